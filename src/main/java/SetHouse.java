@@ -304,14 +304,14 @@ public final class SetHouse {
             if (k != m) {
                 return k < m ? -1 : 1;
             }
+            if (a < 0 && b < 0) {
+                return Integer.compare(a << 4, b << 4);
+            }
             if (k == KIND_WHOLE) {
                 return compareWholes(a, b);
             }
             if (k == KIND_STRING) {
                 return compareStrings(a, b);
-            }
-            if (a < 0 || b < 0) {
-                return Integer.compare(a, b);
             }
             int n = Math.min(length(a), length(b));
             for (int i = 1; i <= n; i++) {
@@ -335,9 +335,6 @@ public final class SetHouse {
         }
 
         private int compareWholes(int a, int b) {
-            if (a < 0 && b < 0) {
-                return Integer.compare(a << 4, b << 4);
-            }
             // A whole in the heap is farther from 0 than any that fits into a handle.
             if (a < 0) {
                 return flagged(b) ? 1 : -1;
@@ -1669,17 +1666,18 @@ public final class SetHouse {
         static final int OR_JUMP = 7;
         static final int TRUTH = 8;
         static final int NOT = 9;
-        static final int FRAME = 10;
-        static final int CALL_FUNC = 11;
-        static final int END_FUNC = 12;
-        static final int CALL_PROC = 13;
-        static final int END_PROC = 14;
-        static final int POINT = 15;
-        static final int FAIL = 16;
-        static final int SUCCEED = 17;
-        static final int ASSERT = 18;
-        static final int PRINT = 19;
-        static final int END_VIEW = 20;
+        static final int END_VIEW = 10;
+        // Calls, points, output.
+        static final int FRAME = 16;
+        static final int CALL_FUNC = 17;
+        static final int END_FUNC = 18;
+        static final int CALL_PROC = 19;
+        static final int END_PROC = 20;
+        static final int POINT = 21;
+        static final int FAIL = 22;
+        static final int SUCCEED = 23;
+        static final int ASSERT = 24;
+        static final int PRINT = 25;
         // What is put upon the stack, and taken off.
         static final int PUSH = 32;
         static final int LITERAL = 33;
@@ -1690,17 +1688,18 @@ public final class SetHouse {
         static final int PICK = 38;
         static final int SWAP = 39;
         static final int GIVE = 40;
-        static final int MAKE_SET = 41;
-        static final int MAKE_TUPLE = 42;
-        static final int SPAN_SET = 43;
-        static final int SPAN_TUPLE = 44;
-        static final int STEPS_SET = 45;
-        static final int STEPS_TUPLE = 46;
-        static final int FOLD = 47;
-        static final int FOLD_ON = 48;
-        static final int NEW_ATOM = 49;
-        static final int RANDOM = 50;
-        // Iters: of exps, then of fors, whose variables are counted; what formers gather.
+        // What is made of what is upon the stack.
+        static final int MAKE_SET = 48;
+        static final int MAKE_TUPLE = 49;
+        static final int SPAN_SET = 50;
+        static final int SPAN_TUPLE = 51;
+        static final int STEPS_SET = 52;
+        static final int STEPS_TUPLE = 53;
+        static final int FOLD = 54;
+        static final int FOLD_ON = 55;
+        static final int NEW_ATOM = 56;
+        static final int RANDOM = 57;
+        // Iters: of exps, then of fors, whose variables are counted.
         static final int ITER = 64;
         static final int NEXT = 65;
         static final int NAME = 66;
@@ -1711,11 +1710,12 @@ public final class SetHouse {
         static final int FOR_NAME = 71;
         static final int FOR_NAMES = 72;
         static final int FOR_CLEAR = 73;
-        static final int GATHER = 74;
-        static final int GATHER_SET = 75;
-        static final int GATHER_TUPLE = 76;
-        static final int GATHERED_SET = 77;
-        static final int GATHERED_TUPLE = 78;
+        // What formers gather.
+        static final int GATHER = 80;
+        static final int GATHER_SET = 81;
+        static final int GATHER_TUPLE = 82;
+        static final int GATHERED_SET = 83;
+        static final int GATHERED_TUPLE = 84;
         // Parts and targets.
         static final int PART_ONE = 96;
         static final int PART_ROW = 97;
@@ -1881,12 +1881,12 @@ public final class SetHouse {
             }
         }
 
+        /** Two bytes that are none of any token stand behind the tape while it is read. */
         void rewind() {
+            tape = grownBytes(tape, length + 2);
+            tape[length] = 0;
+            tape[length + 1] = 0;
             end = 0;
-        }
-
-        private int at(int i) {
-            return i < length ? tape[i] & 255 : -1;
         }
 
         private static boolean isBlank(int c) {
@@ -1901,11 +1901,11 @@ public final class SetHouse {
             return c >= '0' && c <= '9';
         }
 
-        /** The next token is looked at. */
+        /** The next token is looked at; what is none is thrown, its place being start (fault 1). */
         void advance() {
             start = skipped(end);
-            int c = at(start);
-            if (c < 0) {
+            int c = tape[start] & 255;
+            if (start >= length) {
                 kind = FINISH;
                 end = start;
             } else if (isLetter(c)) {
@@ -1915,40 +1915,41 @@ public final class SetHouse {
             } else if (c == '"') {
                 readString();
             } else {
-                kind = sign(c, at(start + 1));
+                kind = sign(c, tape[start + 1]);
                 end = start + (isDouble(kind) ? 2 : 1);
+            }
+            if (kind == BAD) {
+                throw new IllegalArgumentException();
             }
         }
 
         private int skipped(int from) {
-            int i = from;
             boolean note = false;
-            for (int c = at(i); c >= 0; c = at(i)) {
+            for (int i = from; i < length; i++) {
+                int c = tape[i];
                 if (note) {
                     note = c != 10;
-                } else if (c == '-' && at(i + 1) == '-') {
+                } else if (c == '-' && tape[i + 1] == '-') {
                     note = true;
                 } else if (!isBlank(c)) {
                     return i;
                 }
-                i++;
             }
-            return i;
+            return length;
         }
 
         private void readName() {
-            int i = start;
+            end = start;
             high = 0;
             low = 0;
-            for (int c = at(i); isLetter(c) || isDigit(c) || c == '_'; c = at(i)) {
+            for (int i = start; i < length && isNameByte(tape[i]); i++) {
                 if (i - start < 8) {
-                    high = high << 8 | c;
+                    high = high << 8 | tape[i];
                 } else {
-                    low = low << 8 | c;
+                    low = low << 8 | tape[i];
                 }
-                i++;
+                end = i + 1;
             }
-            end = i;
             kind = end - start <= 16 ? NAME : BAD;
             for (int w = 0; w < words.length && end - start <= 8; w++) {
                 if (words[w] == high) {
@@ -1958,22 +1959,25 @@ public final class SetHouse {
             }
         }
 
+        private static boolean isNameByte(int c) {
+            return isLetter(c) || isDigit(c) || c == '_';
+        }
+
         private void readNumber() {
-            int i = start;
-            for (int c = at(i); isDigit(c); c = at(i)) {
-                i++;
+            end = start;
+            for (int i = start; i < length && isDigit(tape[i]); i++) {
+                end = i + 1;
             }
-            end = i;
             kind = end - start <= 60 ? NUMBER : BAD;
         }
 
         private void readString() {
-            int i = start + 1;
-            for (int c = at(i); c >= 32 && c != '"'; c = at(i)) {
-                i++;
+            int close = start + 1;
+            for (int i = start + 1; i < length && (tape[i] & 255) >= 32 && tape[i] != '"'; i++) {
+                close = i + 1;
             }
-            kind = at(i) == '"' && i - start - 1 <= 100 ? STRING : BAD;
-            end = i + 1;
+            kind = close < length && tape[close] == '"' && close - start - 1 <= 100 ? STRING : BAD;
+            end = close + 1;
         }
 
         private static int sign(int c, int next) {
@@ -2161,6 +2165,10 @@ public final class SetHouse {
         private static final int LEVEL_REL = 3;
         private static final int LEVEL_SUM = 4;
         private static final int LEVEL_TERM = 5;
+        private static final int LEVEL_POWER = 6;
+        private static final int LEVEL_PREFIX = 7;
+        // An operator among the marks: its level, its instruction, a jump's place or the way of a fold.
+        private static final int POSTPONED = 3;
         // A target among the marks: its name's slot and unit, how many values and parts, the parts' kinds.
         private static final int TARGET_HEAD = 4;
 
@@ -2201,7 +2209,16 @@ public final class SetHouse {
                 wholeProgram();
                 return true;
             } catch (IllegalArgumentException e) {
+                noteFault();
                 return false;
+            }
+        }
+
+        /** Where none of the others was met it is the token itself. */
+        private void noteFault() {
+            if (faultCode == 0) {
+                faultCode = 1;
+                faultPlace = lex.start;
             }
         }
 
@@ -2215,6 +2232,7 @@ public final class SetHouse {
                 wholeExp();
                 return true;
             } catch (IllegalArgumentException e) {
+                noteFault();
                 of.size = size;
                 of.names = names;
                 return false;
@@ -2236,46 +2254,39 @@ public final class SetHouse {
             lex.rewind();
         }
 
-        private void fault(int code, int place) {
+        private void refuse(int code, int place) {
             faultCode = code;
             faultPlace = place;
             throw new IllegalArgumentException();
         }
 
-        private void take() {
-            lex.advance();
-            if (lex.kind == Lexer.BAD) {
-                fault(1, lex.start);
-            }
-        }
-
         private void want(int kind) {
             if (lex.kind != kind) {
-                fault(2, lex.start);
+                refuse(2, lex.start);
             }
         }
 
         private void expect(int kind) {
             want(kind);
-            take();
+            lex.advance();
         }
 
         private void checkOpen() {
             if (open >= MOST_OPEN) {
-                fault(3, lex.start);
+                refuse(3, lex.start);
             }
         }
 
         private void opens() {
             checkOpen();
             open++;
-            take();
+            lex.advance();
         }
 
         private void closes(int kind) {
             want(kind);
             open--;
-            take();
+            lex.advance();
         }
 
         private int mark(int n) {
@@ -2288,14 +2299,14 @@ public final class SetHouse {
         // ------------------------------------------------ programs
 
         private void wholeExp() {
-            take();
+            lex.advance();
             exp(0);
             want(Lexer.FINISH);
             p.emit(Op.END_VIEW, 0);
         }
 
         private void wholeProgram() {
-            take();
+            lex.advance();
             boolean more = true;
             for (int i = 0; i <= MOST_TAPE && more; i++) {
                 more = declaration();
@@ -2323,10 +2334,10 @@ public final class SetHouse {
         }
 
         private void variables(int from) {
-            take();
+            lex.advance();
             tellVariable(from);
             for (int i = 0; i <= MOST_TAPE && lex.kind == Lexer.COMMA; i++) {
-                take();
+                lex.advance();
                 tellVariable(from);
             }
             expect(Lexer.SEMICOLON);
@@ -2337,35 +2348,35 @@ public final class SetHouse {
             checkName(from);
             p.counted[unit]++;
             p.tell(lex.high, lex.low, Program.VARIABLE, unit, p.newSlots(unit, 1));
-            take();
+            lex.advance();
         }
 
         private void checkName(int from) {
             want(Lexer.NAME);
             if (p.isToldFrom(from, lex.high, lex.low)) {
-                fault(4, lex.start);
+                refuse(4, lex.start);
             }
             if (p.variables[unit] >= MOST_VARIABLES) {
-                fault(8, lex.start);
+                refuse(8, lex.start);
             }
             p.variables[unit]++;
         }
 
         /** The head of a func or proc, as far as its ( : the names before its own. */
         private int tellUnit(int kind) {
-            take();
+            lex.advance();
             want(Lexer.NAME);
             if (p.isToldFrom(0, lex.high, lex.low)) {
-                fault(4, lex.start);
+                refuse(4, lex.start);
             }
             if (p.units >= MOST_UNITS) {
-                fault(8, lex.start);
+                refuse(8, lex.start);
             }
             p.units++;
             unit = p.units;
             p.openUnit(unit);
             p.tell(lex.high, lex.low, kind, 0, unit);
-            take();
+            lex.advance();
             want(Lexer.ROUND);
             opens();
             return p.names;
@@ -2374,10 +2385,10 @@ public final class SetHouse {
         private void parameter(int names) {
             want(Lexer.NAME);
             if (p.isToldFrom(names, lex.high, lex.low)) {
-                fault(4, lex.start);
+                refuse(4, lex.start);
             }
             if (p.params[unit] >= MOST_PARAMS) {
-                fault(8, lex.start);
+                refuse(8, lex.start);
             }
             tellVariable(names);
             p.params[unit]++;
@@ -2389,7 +2400,7 @@ public final class SetHouse {
             if (lex.kind != Lexer.ROUND_END) {
                 parameter(names);
                 for (int i = 0; i <= MOST_PARAMS && lex.kind == Lexer.COMMA; i++) {
-                    take();
+                    lex.advance();
                     parameter(names);
                 }
             }
@@ -2413,7 +2424,7 @@ public final class SetHouse {
             if (lex.kind != Lexer.ROUND_END) {
                 modeAndParameter(names);
                 for (int i = 0; i <= MOST_PARAMS && lex.kind == Lexer.COMMA; i++) {
-                    take();
+                    lex.advance();
                     modeAndParameter(names);
                 }
             }
@@ -2435,7 +2446,7 @@ public final class SetHouse {
             int mode = Program.READ_ONLY;
             if (lex.kind == Lexer.RD || lex.kind == Lexer.WR || lex.kind == Lexer.RW) {
                 mode = lex.kind - Lexer.RD;
-                take();
+                lex.advance();
             }
             int at = p.params[unit];
             parameter(names);
@@ -2480,11 +2491,11 @@ public final class SetHouse {
                 checkOpen();
             }
             if (p.statements >= MOST_STATEMENTS) {
-                fault(8, lex.start);
+                refuse(8, lex.start);
             }
             boolean inLoop = loopNext != NONE;
             if (((kind == Lexer.QUIT || kind == Lexer.CONTINUE) && !inLoop) || (kind == Lexer.RETURN && unit == 0)) {
-                fault(7, lex.start);
+                refuse(7, lex.start);
             }
         }
 
@@ -2506,7 +2517,7 @@ public final class SetHouse {
                     forStatement();
                     break;
                 case Lexer.PRINT:
-                    take();
+                    lex.advance();
                     want(Lexer.ROUND);
                     opens();
                     p.emit(Op.PRINT, exps());
@@ -2521,7 +2532,7 @@ public final class SetHouse {
 
         private void plainStatement() {
             int kind = lex.kind;
-            take();
+            lex.advance();
             switch (kind) {
                 case Lexer.QUIT:
                     quits = p.emit(Op.JUMP, quits);
@@ -2571,7 +2582,7 @@ public final class SetHouse {
         private void ifStatement() {
             opens();
             if (lex.kind == Lexer.OK) {
-                take();
+                lex.advance();
                 p.emit(Op.POINT, 0);
             } else {
                 exp(0);
@@ -2582,7 +2593,7 @@ public final class SetHouse {
             for (int i = 0; i <= MOST_TAPE && lex.kind == Lexer.ELSEIF; i++) {
                 ends = p.emit(Op.JUMP, ends);
                 p.aim(otherwise, p.size);
-                take();
+                lex.advance();
                 exp(0);
                 otherwise = thenJump();
                 block();
@@ -2591,7 +2602,7 @@ public final class SetHouse {
                 ends = p.emit(Op.JUMP, ends);
                 p.aim(otherwise, p.size);
                 otherwise = NONE;
-                take();
+                lex.advance();
                 block();
             }
             closes(Lexer.END);
@@ -2637,7 +2648,7 @@ public final class SetHouse {
             int first = rowFirst;
             int last = rowLast;
             if (lex.kind == Lexer.BAR) {
-                take();
+                lex.advance();
                 exp(0);
                 p.aim(p.emit(Op.JUMP_FALSE, 0), last);
             }
@@ -2660,7 +2671,7 @@ public final class SetHouse {
             int name = takenName();
             int what = name == NONE ? Program.FUNC : p.what[name];
             if (what == Program.FUNC || (what == Program.PROC && lex.kind != Lexer.ROUND)) {
-                fault(5, place);
+                refuse(5, place);
             }
             if (what == Program.PROC) {
                 kept = 0;
@@ -2672,7 +2683,7 @@ public final class SetHouse {
             int target = targetParts(name);
             switch (lex.kind) {
                 case Lexer.ASSIGN:
-                    take();
+                    lex.advance();
                     assignment(target, from);
                     break;
                 case Lexer.PLUS:
@@ -2686,7 +2697,7 @@ public final class SetHouse {
                     taking(target, lex.kind - Lexer.FROM);
                     break;
                 default:
-                    fault(2, lex.start);
+                    refuse(2, lex.start);
                     break;
             }
             marked = target;
@@ -2695,7 +2706,7 @@ public final class SetHouse {
         private int takenName() {
             long high = lex.high;
             long low = lex.low;
-            take();
+            lex.advance();
             return p.found(high, low);
         }
 
@@ -2705,7 +2716,7 @@ public final class SetHouse {
             int place = lex.start;
             int name = takenName();
             if (name == NONE || p.what[name] != Program.VARIABLE) {
-                fault(5, place);
+                refuse(5, place);
             }
             return targetParts(name);
         }
@@ -2746,7 +2757,7 @@ public final class SetHouse {
                 return;
             }
             if (lex.kind == Lexer.OK && marks[target + 3] == 0) {
-                take();
+                lex.advance();
                 p.emit(Op.POINT, 0);
             } else {
                 exp(0);
@@ -2755,7 +2766,7 @@ public final class SetHouse {
         }
 
         private void operation(int target, int sign) {
-            take();
+            lex.advance();
             expect(Lexer.ASSIGN);
             exp(0);
             emitTarget(Op.READ, target, marks[target + 2] + 1);
@@ -2765,7 +2776,7 @@ public final class SetHouse {
         }
 
         private void taking(int target, int way) {
-            take();
+            lex.advance();
             int source = target();
             int values = marks[target + 2];
             int sourceValues = marks[source + 2];
@@ -2785,7 +2796,7 @@ public final class SetHouse {
             int holes = 1;
             int values = hole();
             for (int i = 0; i <= MOST_TAPE && lex.kind == Lexer.COMMA; i++) {
-                take();
+                lex.advance();
                 values = values + hole();
                 holes++;
             }
@@ -2813,7 +2824,7 @@ public final class SetHouse {
             if (lex.kind != Lexer.MINUS) {
                 return marks[target() + 2];
             }
-            take();
+            lex.advance();
             mark(NONE);
             mark(0);
             mark(0);
@@ -2835,9 +2846,9 @@ public final class SetHouse {
             kept = 0;
             keep(p.code, from, p.size - from);
             p.size = from;
-            take();
+            lex.advance();
             if (lex.kind != Lexer.ROUND) {
-                fault(5, place);
+                refuse(5, place);
             }
             int targetCode = kept;
             call(proc);
@@ -2857,14 +2868,14 @@ public final class SetHouse {
                 argument(proc, 0);
                 n = 1;
                 for (int i = 0; i <= MOST_TAPE && lex.kind == Lexer.COMMA; i++) {
-                    take();
+                    lex.advance();
                     argument(proc, n);
                     n++;
                 }
             }
             want(Lexer.ROUND_END);
             if (n != p.params[proc]) {
-                fault(6, lex.start);
+                refuse(6, lex.start);
             }
             closes(Lexer.ROUND_END);
             p.emit(Op.CALL_PROC, proc);
@@ -2880,7 +2891,7 @@ public final class SetHouse {
                 return;
             }
             if (targetPlace != place || targetEnd != p.size) {
-                fault(6, place);
+                refuse(6, place);
             }
             keepTarget(p.params[proc] - 1 - at);
             if (mode == Program.WRITE_ONLY) {
@@ -2916,7 +2927,7 @@ public final class SetHouse {
             exp(0);
             int n = 1;
             for (int i = 0; i <= MOST_TAPE && lex.kind == Lexer.COMMA; i++) {
-                take();
+                lex.advance();
                 exp(0);
                 n++;
             }
@@ -2946,6 +2957,8 @@ public final class SetHouse {
                 case Lexer.DIV:
                 case Lexer.MOD:
                     return LEVEL_TERM;
+                case Lexer.POWER:
+                    return LEVEL_POWER;
                 default:
                     return NONE;
             }
@@ -2963,6 +2976,8 @@ public final class SetHouse {
                     return Op.DIV;
                 case Lexer.MOD:
                     return Op.MOD;
+                case Lexer.POWER:
+                    return Op.POWER;
                 case Lexer.IN:
                     return Op.IN;
                 case Lexer.NOTIN:
@@ -2974,77 +2989,104 @@ public final class SetHouse {
             }
         }
 
-        /** An exp of operators of this level at least (0: a whole exp, LEVEL_SUM: a sum). */
+        /**
+         * An exp of operators of this level at least (0: a whole exp, LEVEL_SUM: a sum). Operators wait among
+         * the marks until what stands behind them is read, so that only brackets and their like go deeper.
+         */
         private void exp(int least) {
-            int most = LEVEL_TERM;
-            if (lex.kind == Lexer.NOT && least <= LEVEL_NOT) {
-                opens();
-                exp(LEVEL_NOT);
-                open--;
-                p.emit(Op.NOT, 0);
-                most = LEVEL_AND;
-            } else {
-                power();
-            }
-            for (int i = 0; i <= MOST_TAPE; i++) {
-                int level = level(lex.kind);
-                if (level < least || level > most) {
-                    return;
+            int first = marked;
+            boolean more = true;
+            for (int i = 0; i <= MOST_TAPE && more; i++) {
+                boolean prefixed = true;
+                for (int k = 0; k <= MOST_OPEN && prefixed; k++) {
+                    prefixed = prefix(first, least);
                 }
-                binary(level);
-                // Two comparisons do not follow each other.
-                most = level == LEVEL_REL ? LEVEL_AND : level;
+                operand();
+                more = operator(first, least);
             }
+            settle(first, 0);
         }
 
-        private void binary(int level) {
-            int kind = lex.kind;
-            take();
-            if (level > LEVEL_AND) {
-                exp(level + 1);
-                p.emit(binaryOp(kind), 0);
-                return;
-            }
-            int jump = p.emit(level == LEVEL_OR ? Op.OR_JUMP : Op.AND_JUMP, 0);
-            exp(level + 1);
-            p.emit(Op.TRUTH, 0);
-            p.aim(jump, p.size);
+        private int postponedLevel(int first) {
+            return marked > first ? marks[marked - POSTPONED] : NONE;
         }
 
-        private void power() {
-            prefix();
-            if (lex.kind == Lexer.POWER) {
-                opens();
-                power();
-                open--;
-                p.emit(Op.POWER, 0);
-            }
+        private void postpone(int level, int op, int more) {
+            mark(level);
+            mark(op);
+            mark(more);
         }
 
-        private void prefix() {
+        /** An operator before an operand, if one stands here. */
+        private boolean prefix(int first, int least) {
             int kind = lex.kind;
             switch (kind) {
+                case Lexer.NOT:
+                    if ((marked == first ? least : postponedLevel(first)) > LEVEL_NOT) {
+                        return false;
+                    }
+                    opens();
+                    postpone(LEVEL_NOT, Op.NOT, 0);
+                    return true;
                 case Lexer.MINUS:
                 case Lexer.HASH:
                     opens();
-                    prefix();
-                    open--;
-                    p.emit(kind == Lexer.MINUS ? Op.NEG : Op.LEN, 0);
-                    break;
+                    postpone(LEVEL_PREFIX, kind == Lexer.MINUS ? Op.NEG : Op.LEN, 0);
+                    return true;
                 case Lexer.PLUS:
                 case Lexer.STAR:
                 case Lexer.MAX:
                 case Lexer.MIN:
                     opens();
                     expect(Lexer.SLASH);
-                    prefix();
-                    open--;
-                    p.emit(Op.FOLD, 0);
-                    p.emit(Op.FOLD_ON, kind == Lexer.PLUS ? 0 : kind == Lexer.STAR ? 1 : kind == Lexer.MAX ? 2 : 3);
-                    break;
+                    postpone(LEVEL_PREFIX, Op.FOLD, kind == Lexer.PLUS ? 0 : kind == Lexer.STAR ? 1 : kind == Lexer.MAX ? 2 : 3);
+                    return true;
                 default:
-                    operand();
-                    break;
+                    return false;
+            }
+        }
+
+        /** An operator behind an operand, if one stands here that belongs to this exp. */
+        private boolean operator(int first, int least) {
+            int kind = lex.kind;
+            int level = level(kind);
+            if (level < least) {
+                return false;
+            }
+            // Comparisons do not follow each other, and ** takes what is right of it first.
+            boolean alone = level == LEVEL_REL || level == LEVEL_POWER;
+            settle(first, alone ? level + 1 : level);
+            if (level == LEVEL_REL && postponedLevel(first) == LEVEL_REL) {
+                return false;
+            }
+            if (level == LEVEL_POWER) {
+                opens();
+            } else {
+                lex.advance();
+            }
+            int jump = 0;
+            if (level <= LEVEL_AND) {
+                jump = p.emit(level == LEVEL_OR ? Op.OR_JUMP : Op.AND_JUMP, 0);
+            }
+            postpone(level, level <= LEVEL_AND ? Op.TRUTH : binaryOp(kind), jump);
+            return true;
+        }
+
+        /** Operators of this level at least have all that stands behind them. */
+        private void settle(int first, int least) {
+            for (int i = 0; i <= MOST_TAPE && marked > first && marks[marked - POSTPONED] >= least; i++) {
+                marked = marked - POSTPONED;
+                int level = marks[marked];
+                int more = marks[marked + 2];
+                p.emit(marks[marked + 1], 0);
+                if (level <= LEVEL_AND) {
+                    p.aim(more, p.size);
+                } else if (level == LEVEL_NOT || level >= LEVEL_POWER) {
+                    open--;
+                }
+                if (marks[marked + 1] == Op.FOLD) {
+                    p.emit(Op.FOLD_ON, more);
+                }
             }
         }
 
@@ -3082,7 +3124,7 @@ public final class SetHouse {
             opens();
             exp(0);
             if (lex.kind == Lexer.DOTS) {
-                take();
+                lex.advance();
                 exp(0);
                 kind = Op.PART_ROW;
             }
@@ -3105,7 +3147,7 @@ public final class SetHouse {
                 case Lexer.TRUE_WORD:
                 case Lexer.FALSE_WORD:
                     push(lex.kind == Lexer.OM_WORD ? OM : truth(lex.kind == Lexer.TRUE_WORD));
-                    take();
+                    lex.advance();
                     break;
                 case Lexer.ROUND:
                     opens();
@@ -3137,7 +3179,7 @@ public final class SetHouse {
             int name = takenName();
             int what = name == NONE ? Program.PROC : p.what[name];
             if (what == Program.PROC || (what == Program.FUNC && lex.kind != Lexer.ROUND)) {
-                fault(5, place);
+                refuse(5, place);
             }
             if (what == Program.FUNC) {
                 functionCall(p.slot[name]);
@@ -3154,7 +3196,7 @@ public final class SetHouse {
             int n = lex.kind == Lexer.ROUND_END ? 0 : exps();
             want(Lexer.ROUND_END);
             if (n != p.params[func]) {
-                fault(6, lex.start);
+                refuse(6, lex.start);
             }
             closes(Lexer.ROUND_END);
             p.emit(Op.CALL_FUNC, func);
@@ -3174,7 +3216,7 @@ public final class SetHouse {
                     p.word(wholes.resultLimb(i));
                 }
             }
-            take();
+            lex.advance();
         }
 
         private void string() {
@@ -3194,7 +3236,7 @@ public final class SetHouse {
                     p.code[at + 1 + (i >> 2)] |= (lex.tape[from + i] & 255) << ((i & 3) << 3);
                 }
             }
-            take();
+            lex.advance();
         }
 
         /** { .. } or [ .. ] : tuple is 1 for the latter, whose instructions stand behind those of sets. */
@@ -3207,7 +3249,7 @@ public final class SetHouse {
             } else {
                 exp(0);
                 if (lex.kind == Lexer.DOTS) {
-                    take();
+                    lex.advance();
                     exp(0);
                     p.emit(Op.SPAN_SET + tuple, 0);
                 } else {
@@ -3220,11 +3262,11 @@ public final class SetHouse {
         private void members(int tuple) {
             int n = 1;
             for (int i = 0; i <= MOST_TAPE && lex.kind == Lexer.COMMA; i++) {
-                take();
+                lex.advance();
                 exp(0);
                 n++;
                 if (n == 2 && lex.kind == Lexer.DOTS) {
-                    take();
+                    lex.advance();
                     exp(0);
                     p.emit(Op.STEPS_SET + tuple, 0);
                     return;
@@ -3234,7 +3276,7 @@ public final class SetHouse {
         }
 
         private void former(int tuple) {
-            take();
+            lex.advance();
             int names = p.names;
             int slots = p.frames[unit];
             p.emit(Op.GATHER, 0);
@@ -3242,7 +3284,7 @@ public final class SetHouse {
             int first = rowFirst;
             int last = rowLast;
             if (lex.kind == Lexer.BAR) {
-                take();
+                lex.advance();
                 exp(0);
                 p.aim(p.emit(Op.JUMP_FALSE, 0), last);
             }
@@ -3291,7 +3333,7 @@ public final class SetHouse {
             int ends = p.emit(Op.JUMP, 0);
             p.aim(otherwise, p.size);
             for (int i = 0; i <= MOST_TAPE && lex.kind == Lexer.ELSEIF; i++) {
-                take();
+                lex.advance();
                 exp(0);
                 otherwise = thenJump();
                 exp(0);
@@ -3309,15 +3351,15 @@ public final class SetHouse {
             int kind = lex.kind;
             boolean drawn = kind == Lexer.RANDOM && allowed >= RANDOM_ONLY;
             if (kind == Lexer.NEWAT && allowed == ALL) {
-                take();
+                lex.advance();
                 p.emit(Op.NEW_ATOM, 0);
                 return;
             }
             int op = wordOp(kind);
             if (op == NONE && !drawn) {
-                fault(2, lex.start);
+                refuse(2, lex.start);
             }
-            take();
+            lex.advance();
             want(Lexer.ROUND);
             opens();
             exp(0);
@@ -3369,7 +3411,7 @@ public final class SetHouse {
                 }
                 more = lex.kind == Lexer.COMMA;
                 if (more) {
-                    take();
+                    lex.advance();
                 }
             }
             rowFirst = first;
@@ -3393,7 +3435,7 @@ public final class SetHouse {
             opens();
             iterName(row, counted);
             for (int i = 0; i <= MOST_VARIABLES && lex.kind == Lexer.COMMA; i++) {
-                take();
+                lex.advance();
                 iterName(row, counted);
             }
             closes(Lexer.SQUARE_END);
@@ -3405,7 +3447,7 @@ public final class SetHouse {
             p.counted[unit] += counted ? 1 : 0;
             p.tell(lex.high, lex.low, Program.VARIABLE, unit, p.newSlots(unit, 1));
             p.hidden[p.names - 1] = true;
-            take();
+            lex.advance();
         }
     }
 
@@ -3684,7 +3726,9 @@ public final class SetHouse {
             halted = false;
             int[] code = program.code;
             for (long turn = 0; turn < FOREVER && !halted; turn++) {
-                makeRoom();
+                if (heap.isTight()) {
+                    makeRoom();
+                }
                 int at = run.pc;
                 if (at < 0 || at >= code.length) {
                     return;
@@ -3692,20 +3736,29 @@ public final class SetHouse {
                 run.pc = at + 1;
                 int op = code[at] & 255;
                 int number = code[at] >> 8;
-                switch (op >> 5) {
+                switch (op >> 4) {
                     case 0:
                         flow(op, number, at);
                         break;
                     case 1:
-                        data(op, number, at);
+                        callsAndPoints(op, number);
                         break;
                     case 2:
-                        iterate(op, number, at);
+                        data(op, number, at);
                         break;
                     case 3:
-                        partly(op, number, at);
+                        makeValue(op, number, at);
                         break;
                     case 4:
+                        iterate(op, number, at);
+                        break;
+                    case 5:
+                        gather(op);
+                        break;
+                    case 6:
+                        partly(op, number, at);
+                        break;
+                    case 8:
                         run.sp--;
                         replace(algebra.binary(op, stack[run.sp - 1], stack[run.sp]));
                         break;
@@ -3810,17 +3863,8 @@ public final class SetHouse {
                         replace(truth(stack[run.sp - 1] == FALSE));
                     }
                     break;
-                case Op.FRAME:
-                    pushRaws(HEAD);
-                    break;
-                case Op.PRINT:
-                    print(number);
-                    break;
-                case Op.END_VIEW:
-                    halted = true;
-                    break;
                 default:
-                    callsAndPoints(op, number);
+                    halted = true;
                     break;
             }
         }
@@ -3855,6 +3899,12 @@ public final class SetHouse {
 
         private void callsAndPoints(int op, int number) {
             switch (op) {
+                case Op.FRAME:
+                    pushRaws(HEAD);
+                    break;
+                case Op.PRINT:
+                    print(number);
+                    break;
                 case Op.CALL_FUNC:
                     callFunc(number);
                     break;
@@ -4052,11 +4102,8 @@ public final class SetHouse {
                     stack[run.sp - 1] = stack[run.sp - 2];
                     stack[run.sp - 2] = h;
                     break;
-                case Op.GIVE:
-                    spend(heap.size(stack[run.sp - 1]));
-                    break;
                 default:
-                    makeValue(op, number, at);
+                    spend(heap.size(stack[run.sp - 1]));
                     break;
             }
         }
@@ -4208,12 +4255,9 @@ public final class SetHouse {
                     }
                     run.pc = at + 2;
                     break;
-                case Op.FOR_CLEAR:
+                default:
                     clearFor(slot, run.fp + HEAD + program.code[at + 1], program.code[at + 2]);
                     run.pc = at + 3;
-                    break;
-                default:
-                    gather(op);
                     break;
             }
         }
