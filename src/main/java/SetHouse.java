@@ -3474,6 +3474,10 @@ public final class SetHouse {
         private int printed;
         private long seed;
 
+        int weight() {
+            return sp + pointTop + total + pointTotal;
+        }
+
         void copyFrom(Run other) {
             pc = other.pc;
             fp = other.fp;
@@ -3495,11 +3499,112 @@ public final class SetHouse {
         }
     }
 
-    /** A run as it stood before a statement: its numbers, then its stack and its points in one row. */
-    private static final class Saved {
-        private final Run run = new Run();
-        private int[] row = new int[16];
-        private int used;
+    /**
+     * A run as it stood before some of its statements, so that going back need not do all again: up to
+     * eight at like distances (wider ones as it goes on), and one near the place where a call was to end.
+     */
+    private static final class Saves {
+        private static final int MOST = 8;
+        private static final int NEAR = MOST;
+        private static final int FIRST_GAP = 256;
+        private static final int NEARNESS = 32;
+        // All that the eight keep from being left behind when cells move.
+        private static final int MOST_WEIGHT = 100000;
+
+        private final Run[] runs = new Run[MOST + 1];
+        // Of each one its stack, then its points.
+        private final int[][] rows = new int[MOST + 1][16];
+        private int saved;
+        private boolean near;
+        private int gap;
+        private int nextAt;
+        private int nearAt;
+
+        Saves() {
+            for (int i = 0; i < runs.length; i++) {
+                runs[i] = new Run();
+            }
+        }
+
+        void empty() {
+            saved = 0;
+            near = false;
+            gap = FIRST_GAP;
+            nextAt = gap;
+            nearAt = NONE;
+        }
+
+        /** So many statements are to be done. */
+        void expect(int begun, int statements) {
+            nearAt = statements > 2 * NEARNESS ? begun + statements - NEARNESS : NONE;
+        }
+
+        /** The newest one that is not beyond a statement, or NONE. */
+        int newest(int begun) {
+            int at = near && runs[NEAR].begun <= begun ? NEAR : NONE;
+            for (int i = 0; i < saved; i++) {
+                if (runs[i].begun <= begun && (at == NONE || runs[i].begun > runs[at].begun)) {
+                    at = i;
+                }
+            }
+            return at;
+        }
+
+        /** A place among the eight for a run as it is, or NONE. */
+        int placeFor(Run run) {
+            for (int i = 0; i < 30 && (saved == MOST || weightWith(run) > MOST_WEIGHT) && saved > 0; i++) {
+                thinOut();
+            }
+            nextAt = (run.begun / gap + 1) * gap;
+            if (run.begun % gap != 0 || weightWith(run) > MOST_WEIGHT) {
+                return NONE;
+            }
+            saved++;
+            return saved - 1;
+        }
+
+        private int weightWith(Run run) {
+            int weight = run.weight();
+            for (int i = 0; i < saved; i++) {
+                weight = weight + runs[i].weight();
+            }
+            return weight;
+        }
+
+        private void thinOut() {
+            int n = 0;
+            gap = gap * 2;
+            for (int i = 0; i < saved; i++) {
+                if (runs[i].begun % gap == 0) {
+                    Run run = runs[i];
+                    int[] row = rows[i];
+                    runs[i] = runs[n];
+                    rows[i] = rows[n];
+                    runs[n] = run;
+                    rows[n] = row;
+                    n++;
+                }
+            }
+            saved = n;
+        }
+
+        void store(int at, Run run, int[] stack, int[] points) {
+            int all = run.sp + run.pointTop;
+            runs[at].copyFrom(run);
+            near = near || at == NEAR;
+            rows[at] = grown(rows[at], all);
+            System.arraycopy(stack, 0, rows[at], 0, run.sp);
+            System.arraycopy(points, 0, rows[at], run.sp, run.pointTop);
+        }
+
+        void move(Heap heap) {
+            for (int i = 0; i < saved; i++) {
+                heap.moveRow(rows[i], runs[i].sp + runs[i].pointTop);
+            }
+            if (near) {
+                heap.moveRow(rows[NEAR], runs[NEAR].sp + runs[NEAR].pointTop);
+            }
+        }
     }
 
     /**
@@ -3510,10 +3615,6 @@ public final class SetHouse {
     private static final class Machine {
         private static final int HEAD = 4;
         private static final int POINT_TAIL = 6;
-        private static final int SAVES = 8;
-        private static final int FIRST_GAP = 256;
-        // Runs with more than this are not saved, so that saved ones never take much room.
-        private static final int MOST_SAVED = 12000;
         private static final long FOREVER = 1L << 62;
         private static final long SEED_FACTOR = 6364136223846793005L;
         private static final long SEED_STEP = 1442695040888963407L;
@@ -3535,9 +3636,7 @@ public final class SetHouse {
         private int funcs;
         private int depths;
         private long firstSeed;
-        private final Saved[] saves = new Saved[SAVES];
-        private int saved;
-        private int gap;
+        private final Saves saves = new Saves();
         private int workDone;
 
         Machine(Heap heap, Wholes wholes, Algebra algebra, Printer printer, int[] kept) {
@@ -3546,9 +3645,6 @@ public final class SetHouse {
             this.algebra = algebra;
             this.printer = printer;
             this.kept = kept;
-            for (int i = 0; i < saves.length; i++) {
-                saves[i] = new Saved();
-            }
         }
 
         // ------------------------------------------------ what the house asks
@@ -3556,8 +3652,7 @@ public final class SetHouse {
         void open(Program of, long seed) {
             program = of;
             firstSeed = seed;
-            saved = 0;
-            gap = FIRST_GAP;
+            saves.empty();
             restart();
         }
 
@@ -3590,6 +3685,7 @@ public final class SetHouse {
                 return;
             }
             left = statements;
+            saves.expect(run.begun, statements);
             trouble = 0;
             funcs = 0;
             depths = 0;
@@ -3613,17 +3709,18 @@ public final class SetHouse {
         }
 
         void goBack(int begun) {
-            int at = NONE;
-            for (int i = 0; i < saved; i++) {
-                at = saves[i].run.begun <= begun ? i : at;
-            }
             if (run.begun == begun) {
                 return;
             }
+            int at = saves.newest(begun);
             if (at == NONE) {
                 restart();
             } else {
-                restore(saves[at]);
+                run.copyFrom(saves.runs[at]);
+                stack = grown(stack, run.sp);
+                points = grown(points, run.pointTop);
+                System.arraycopy(saves.rows[at], 0, stack, 0, run.sp);
+                System.arraycopy(saves.rows[at], run.sp, points, 0, run.pointTop);
             }
             advance(begun - run.begun);
         }
@@ -3664,60 +3761,9 @@ public final class SetHouse {
                 heap.moveRow(stack, run.sp);
                 heap.moveRow(points, run.pointTop);
                 heap.moveRow(kept, kept.length);
-                for (int i = 0; i < saved; i++) {
-                    heap.moveRow(saves[i].row, saves[i].used);
-                }
+                saves.move(heap);
                 heap.endMoving();
             }
-        }
-
-        // ------------------------------------------------ going back
-
-        private void saveHere(int pc) {
-            if (run.sp + run.pointTop > MOST_SAVED || run.total + run.pointTotal > MOST_SAVED) {
-                return;
-            }
-            if (saved == SAVES) {
-                thinOut();
-            }
-            if (saved < SAVES && run.begun % gap == 0) {
-                Saved save = saves[saved];
-                save.run.copyFrom(run);
-                save.run.pc = pc;
-                save.used = run.sp + run.pointTop;
-                save.row = grown(save.row, save.used);
-                System.arraycopy(stack, 0, save.row, 0, run.sp);
-                System.arraycopy(points, 0, save.row, run.sp, run.pointTop);
-                saved++;
-            }
-        }
-
-        /** Every second one goes, and they come half as often from now on. */
-        private void thinOut() {
-            int n = 0;
-            gap = gap * 2;
-            for (int i = 0; i < saved; i++) {
-                Saved save = saves[i];
-                if (save.run.begun % gap == 0) {
-                    saves[i] = saves[n];
-                    saves[n] = save;
-                    n++;
-                }
-            }
-            saved = n;
-        }
-
-        private void restore(Saved save) {
-            run.copyFrom(save.run);
-            stack = grown(stack, run.sp);
-            points = grown(points, run.pointTop);
-            System.arraycopy(save.row, 0, stack, 0, run.sp);
-            System.arraycopy(save.row, run.sp, points, 0, run.pointTop);
-        }
-
-        private boolean isNewSave() {
-            return run.begun > 0 && run.begun % gap == 0
-                    && (saved == 0 || saves[saved - 1].run.begun < run.begun);
         }
 
         // ------------------------------------------------ the instructions
@@ -3888,13 +3934,28 @@ public final class SetHouse {
                 halted = true;
                 return;
             }
-            if (isNewSave()) {
-                saveHere(at);
+            if (run.begun == saves.nearAt || run.begun == saves.nextAt) {
+                save(at);
             }
             left--;
             run.begun++;
             run.place = place;
             run.work = 0;
+        }
+
+        private void save(int at) {
+            int pc = run.pc;
+            run.pc = at;
+            if (run.begun == saves.nearAt) {
+                saves.store(Saves.NEAR, run, stack, points);
+            }
+            if (run.begun == saves.nextAt) {
+                int place = saves.placeFor(run);
+                if (place != NONE) {
+                    saves.store(place, run, stack, points);
+                }
+            }
+            run.pc = pc;
         }
 
         private void callsAndPoints(int op, int number) {
