@@ -109,6 +109,8 @@ public final class SetHouse {
         private static final int FIRST_ROOM = 32768;
         // What one instruction may claim before the machine looks at the room again.
         private static final int RESERVE = 6000;
+        // Kind, flag and length of a tuple of two.
+        private static final int PAIR = KIND_TUPLE | 2 << 4;
 
         private int[] mem = new int[FIRST_ROOM];
         private int[] spare = new int[0];
@@ -166,16 +168,8 @@ public final class SetHouse {
             return kind(h) == KIND_SET && flagged(h);
         }
 
-        boolean isPair(int h) {
-            return h >= 0 && (mem[h] & 0xffff) == (KIND_TUPLE | 2 << 4);
-        }
-
         int member(int h, int i) {
-            return h >= 0 && i >= 0 && i < length(h) ? mem[h + 1 + i] : OM;
-        }
-
-        int limb(int h, int i) {
-            return mem[h + 1 + i];
+            return h >= 0 && i >= 0 && i < (mem[h] >>> 4 & 4095) ? mem[h + 1 + i] : OM;
         }
 
         int byteAt(int h, int i) {
@@ -194,15 +188,6 @@ public final class SetHouse {
             return at + n;
         }
 
-        private int claim(int words) {
-            if (words < 0 || words > mem.length - top) {
-                return -1;
-            }
-            int at = top;
-            top = top + words;
-            return at;
-        }
-
         int makeString(byte[] from, int start, int n) {
             if (n <= 1) {
                 return n <= 0 ? EMPTY_STRING : BYTE_TAG | (from[start] & 255);
@@ -211,10 +196,11 @@ public final class SetHouse {
             if (words >= MOST_SIZE) {
                 return ERROR_SIZE;
             }
-            int at = claim(1 + words);
-            if (at < 0) {
+            int at = top;
+            if (1 + words > mem.length - at) {
                 return ERROR_ROOM;
             }
+            top = at + 1 + words;
             mem[at] = header(KIND_STRING, 0, n, 1 + words, 0);
             for (int i = 1; i <= words; i++) {
                 mem[at + i] = 0;
@@ -230,62 +216,66 @@ public final class SetHouse {
             if (n > MOST_LIMBS) {
                 return ERROR_SIZE;
             }
-            int at = claim(1 + n);
-            if (at < 0) {
+            int at = top;
+            if (1 + n > mem.length - at) {
                 return ERROR_ROOM;
             }
+            top = at + 1 + n;
             mem[at] = header(KIND_WHOLE, below ? 1 : 0, n, 1 + n, 0);
             System.arraycopy(limbs, 0, mem, at + 1, n);
             return at;
         }
 
+        /** A tuple of n values; om at the end is not there. */
         int makeTuple(int[] from, int start, int n) {
             int left = n;
-            for (int i = 0; i < n && from[start + left - 1] == OM; i++) {
-                left--;
-                if (left == 0) {
-                    return EMPTY_TUPLE;
-                }
+            for (int i = n; i > 0 && from[start + i - 1] == OM; i--) {
+                left = i - 1;
             }
             return makeRow(KIND_TUPLE, from, start, left);
         }
 
-        /** A set of n members that stand in order, each once. */
-        int makeSet(int[] from, int start, int n) {
-            return makeRow(KIND_SET, from, start, n);
-        }
-
-        private int makeRow(int kind, int[] from, int start, int n) {
+        /** A tuple that does not end with om, or a set of members that stand in order, each once. */
+        int makeRow(int kind, int[] from, int start, int n) {
             if (n <= 0) {
                 return kind == KIND_SET ? EMPTY_SET : EMPTY_TUPLE;
             }
             int size = 1;
             int height = 0;
             boolean map = kind == KIND_SET;
-            for (int i = start; i < start + n; i++) {
+            for (int i = start; i < start + n && size <= MOST_SIZE; i++) {
                 int m = from[i];
-                size = size + size(m);
-                if (size > MOST_SIZE) {
-                    return ERROR_SIZE;
+                if (m >= 0) {
+                    int header = mem[m];
+                    size = size + (header >>> 16 & 1023);
+                    height = height > header >>> 26 ? height : header >>> 26;
+                    map = map && (header & 0xffff) == PAIR;
+                } else {
+                    int tag = m & RAW_TAG;
+                    size = size + (tag == BYTE_TAG || (tag == WHOLE_TAG && m != ZERO) ? 2 : 1);
+                    map = false;
                 }
-                height = Math.max(height, height(m));
-                map = map && isPair(m);
             }
-            int at = height < MOST_HEIGHT ? claim(1 + n) : -1;
-            if (at < 0) {
-                return height < MOST_HEIGHT ? ERROR_ROOM : ERROR_SIZE;
+            if (size > MOST_SIZE || height >= MOST_HEIGHT) {
+                return ERROR_SIZE;
             }
-            mem[at] = header(kind, map ? 1 : 0, n, size, height + 1);
+            int at = top;
+            if (1 + n > mem.length - at) {
+                return ERROR_ROOM;
+            }
+            top = at + 1 + n;
+            mem[at] = kind | (map ? 8 : 0) | n << 4 | size << 16 | (height + 1) << 26;
             System.arraycopy(from, start, mem, at + 1, n);
             return at;
         }
 
         /** A literal's cell, as it stands in the code. */
         int makeCopy(int[] from, int start, int words) {
-            int at = claim(words);
-            if (at < 0) {
+            int at = top;
+            if (words > mem.length - at) {
                 return ERROR_ROOM;
             }
+            top = at + words;
             System.arraycopy(from, start, mem, at, words);
             return at;
         }
@@ -299,54 +289,60 @@ public final class SetHouse {
             if (a == b) {
                 return 0;
             }
-            int k = kind(a);
-            int m = kind(b);
+            int k = a < 0 ? a >>> 28 & 7 : mem[a] & 7;
+            int m = b < 0 ? b >>> 28 & 7 : mem[b] & 7;
             if (k != m) {
                 return k < m ? -1 : 1;
             }
             if (a < 0 && b < 0) {
-                return Integer.compare(a << 4, b << 4);
+                return a << 4 < b << 4 ? -1 : 1;
             }
-            if (k == KIND_WHOLE) {
-                return compareWholes(a, b);
+            if (k < KIND_TUPLE) {
+                return k == KIND_WHOLE ? compareWholes(a, b) : compareStrings(a, b);
             }
-            if (k == KIND_STRING) {
-                return compareStrings(a, b);
-            }
-            int n = Math.min(length(a), length(b));
-            for (int i = 1; i <= n; i++) {
-                int c = compare(mem[a + i], mem[b + i]);
+            int n = mem[a] >>> 4 & 4095;
+            int l = mem[b] >>> 4 & 4095;
+            for (int i = 1; i <= n && i <= l; i++) {
+                int c = mem[a + i] == mem[b + i] ? 0 : compare(mem[a + i], mem[b + i]);
                 if (c != 0) {
                     return c;
                 }
             }
-            return Integer.compare(length(a), length(b));
+            return n == l ? 0 : n < l ? -1 : 1;
         }
 
         private int compareStrings(int a, int b) {
-            int n = Math.min(length(a), length(b));
-            for (int i = 0; i < n; i++) {
-                int c = byteAt(a, i) - byteAt(b, i);
-                if (c != 0) {
-                    return c < 0 ? -1 : 1;
+            int n = a < 0 ? 1 : mem[a] >>> 4 & 4095;
+            int l = b < 0 ? 1 : mem[b] >>> 4 & 4095;
+            for (int i = 0; i < n && i < l; i++) {
+                int x = a < 0 ? a & 255 : mem[a + 1 + (i >> 2)] >>> ((i & 3) << 3) & 255;
+                int y = b < 0 ? b & 255 : mem[b + 1 + (i >> 2)] >>> ((i & 3) << 3) & 255;
+                if (x != y) {
+                    return x < y ? -1 : 1;
                 }
             }
-            return Integer.compare(length(a), length(b));
+            return n == l ? 0 : n < l ? -1 : 1;
         }
 
         private int compareWholes(int a, int b) {
+            boolean belowA = a >= 0 && (mem[a] & 8) != 0;
+            boolean belowB = b >= 0 && (mem[b] & 8) != 0;
             // A whole in the heap is farther from 0 than any that fits into a handle.
             if (a < 0) {
-                return flagged(b) ? 1 : -1;
+                return belowB ? 1 : -1;
             }
-            if (b < 0 || flagged(a) != flagged(b)) {
-                return flagged(a) ? -1 : 1;
+            if (b < 0 || belowA != belowB) {
+                return belowA ? -1 : 1;
             }
-            int c = Integer.compare(length(a), length(b));
-            for (int i = length(a); i > 0 && c == 0; i--) {
-                c = Integer.compare(mem[a + i] ^ 0x80000000, mem[b + i] ^ 0x80000000);
+            int n = mem[a] >>> 4 & 4095;
+            int l = mem[b] >>> 4 & 4095;
+            int c = n == l ? 0 : n < l ? -1 : 1;
+            for (int i = n; i > 0 && c == 0; i--) {
+                int x = mem[a + i] ^ 0x80000000;
+                int y = mem[b + i] ^ 0x80000000;
+                c = x == y ? 0 : x < y ? -1 : 1;
             }
-            return flagged(a) ? -c : c;
+            return belowA ? -c : c;
         }
 
         // ------------------------------------------------ what is in use moves to the spare room
@@ -377,7 +373,8 @@ public final class SetHouse {
                 return header & 0x7fffffff;
             }
             int at = moved;
-            int words = 1 + wordsBehind(header);
+            int length = header >>> 4 & 4095;
+            int words = 1 + ((header & 7) == KIND_STRING ? (length + 3) >> 2 : length);
             System.arraycopy(mem, h, spare, at, words);
             moved = at + words;
             mem[h] = 0x80000000 | at;
@@ -409,6 +406,8 @@ public final class SetHouse {
         private static final long LIMB = 0xffffffffL;
         private static final int DIGIT = 0xffff;
         private static final int BILLION = 1000000000;
+        // Of a whole as printed, with its sign; a few more than there can be.
+        private static final int MOST_DIGITS = 320;
 
         private final Heap heap;
         private final int[] left = new int[72];
@@ -447,75 +446,57 @@ public final class SetHouse {
         /** The number itself, or one beyond all lengths with its sign. */
         int clamped(int h) {
             if (h < 0) {
-                return number(h);
+                return h << 4 >> 4;
             }
-            return heap.flagged(h) ? -SMALL_LIMIT : SMALL_LIMIT;
+            return (heap.mem[h] & 8) != 0 ? -SMALL_LIMIT : SMALL_LIMIT;
         }
 
         boolean isBelow(int h) {
-            return h < 0 ? number(h) < 0 : heap.flagged(h);
+            return h < 0 ? h << 4 < 0 : (heap.mem[h] & 8) != 0;
         }
 
         private int load(int h, int[] limbs) {
             if (h < 0) {
-                limbs[0] = Math.abs(number(h));
-                return limbs[0] == 0 ? 0 : 1;
+                int n = h << 4 >> 4;
+                limbs[0] = n < 0 ? -n : n;
+                return n == 0 ? 0 : 1;
             }
-            int n = Math.min(heap.length(h), MOST_LIMBS);
-            for (int i = 0; i < n; i++) {
-                limbs[i] = heap.limb(h, i);
-            }
+            int n = heap.mem[h] >>> 4 & 4095;
+            System.arraycopy(heap.mem, h + 1, limbs, 0, n);
             return n;
         }
 
         /** What stands in result, as a value. */
         private int made(int limbs, boolean below) {
             int n = limbs;
-            for (int i = limbs; i > 0 && result[n - 1] == 0; i--) {
-                n--;
-                if (n == 0) {
-                    return ZERO;
-                }
+            for (int i = limbs; i > 0 && result[i - 1] == 0; i--) {
+                n = i - 1;
             }
-            if (n == 0) {
-                return ZERO;
+            int first = result[0];
+            if (n <= 1 && first >= 0 && (first < SMALL_LIMIT || (below && first == SMALL_LIMIT))) {
+                return n == 0 ? ZERO : small(below ? -first : first);
             }
-            if (n == 1 && result[0] >= 0 && result[0] <= SMALL_LIMIT) {
-                return of(below ? -(long) result[0] : (long) result[0]);
-            }
-            return heap.makeWhole(result, n, below);
+            return n == 0 ? ZERO : heap.makeWhole(result, n, below);
         }
 
         int negated(int h) {
-            return h < 0 ? of(-(long) number(h)) : made(loadResult(h), !heap.flagged(h));
+            return made(load(h, result), !isBelow(h));
         }
 
         int absolute(int h) {
             return isBelow(h) ? negated(h) : h;
         }
 
-        private int loadResult(int h) {
-            return load(h, result);
-        }
-
-        int sum(int a, int b) {
+        /** a + b, or a - b. */
+        int added(int a, int b, boolean minus) {
             if (a < 0 && b < 0) {
-                return of((long) number(a) + number(b));
+                long y = b << 4 >> 4;
+                return of((a << 4 >> 4) + (minus ? -y : y));
             }
-            return signedSum(a, b, isBelow(b));
-        }
-
-        int difference(int a, int b) {
-            if (a < 0 && b < 0) {
-                return of((long) number(a) - number(b));
-            }
-            return signedSum(a, b, !isBelow(b));
-        }
-
-        private int signedSum(int a, int b, boolean belowB) {
             int n = load(a, left);
             int m = load(b, right);
             boolean belowA = isBelow(a);
+            boolean belowB = isBelow(b) != minus;
             if (belowA == belowB) {
                 return made(addLimbs(n, m), belowA);
             }
@@ -561,7 +542,7 @@ public final class SetHouse {
 
         int product(int a, int b) {
             if (a < 0 && b < 0) {
-                return of((long) number(a) * number(b));
+                return of((long) (a << 4 >> 4) * (b << 4 >> 4));
             }
             int n = load(a, left);
             int m = load(b, right);
@@ -594,16 +575,13 @@ public final class SetHouse {
             }
             int most = MOST_LIMBS * 32;
             if (a == small(-1)) {
-                int low = b < 0 ? b & 1 : heap.limb(b, 0) & 1;
-                return low == 0 ? ONE : a;
+                int low = b < 0 ? b : heap.mem[b + 1];
+                return (low & 1) == 0 ? ONE : a;
             }
             if (clamped(b) > most) {
                 return ERROR_SIZE;
             }
-            return powerOf(a, number(b));
-        }
-
-        private int powerOf(int a, int exponent) {
+            int exponent = number(b);
             int h = ONE;
             for (int bit = 11; bit >= 0 && !isError(h); bit--) {
                 h = product(h, h);
@@ -804,6 +782,9 @@ public final class SetHouse {
         /** The digits of a whole at a place of a text that has room for them: the place behind. */
         int writeDigits(int h, byte[] to, int start) {
             int at = start;
+            if (at < 0 || at > to.length - MOST_DIGITS) {
+                return at;
+            }
             if (isBelow(h)) {
                 to[at] = '-';
                 at++;
@@ -887,11 +868,11 @@ public final class SetHouse {
                     writeWord(h == TRUE ? "true" : "false");
                     break;
                 case KIND_WHOLE:
-                    writeWhole(h);
+                    length = wholes.writeDigits(h, text, length);
                     break;
                 case KIND_ATOM:
                     put('#');
-                    writeWhole(Wholes.small(h & PAYLOAD));
+                    length = wholes.writeDigits(Wholes.small(h & PAYLOAD), text, length);
                     break;
                 case KIND_STRING:
                     put('"');
@@ -921,12 +902,6 @@ public final class SetHouse {
                 write(heap.member(h, i));
             }
             put(last);
-        }
-
-        private void writeWhole(int h) {
-            if (length + 320 < text.length) {
-                length = wholes.writeDigits(h, text, length);
-            }
         }
 
         private void writeBytes(int h) {
@@ -1033,7 +1008,7 @@ public final class SetHouse {
             }
             switch (k) {
                 case KIND_WHOLE:
-                    return wholes.sum(a, b);
+                    return wholes.added(a, b, false);
                 case KIND_STRING:
                     return joined(a, b);
                 case KIND_TUPLE:
@@ -1055,9 +1030,12 @@ public final class SetHouse {
 
         private int difference(int a, int b) {
             if (areWholes(a, b)) {
-                return wholes.difference(a, b);
+                return wholes.added(a, b, true);
             }
-            return areSets(a, b) ? without(a, b) : ERROR_KIND;
+            if (!areSets(a, b)) {
+                return ERROR_KIND;
+            }
+            return heap.length(b) > heap.length(a) ? chosen(a, b, false) : without(a, b);
         }
 
         int product(int a, int b) {
@@ -1065,7 +1043,7 @@ public final class SetHouse {
                 return wholes.product(a, b);
             }
             if (areSets(a, b)) {
-                return heap.length(a) < heap.length(b) ? common(a, b) : common(b, a);
+                return heap.length(a) < heap.length(b) ? chosen(a, b, true) : chosen(b, a, true);
             }
             int k = heap.kind(a);
             if (heap.kind(b) != KIND_WHOLE || (k != KIND_STRING && k != KIND_TUPLE)) {
@@ -1135,13 +1113,10 @@ public final class SetHouse {
                 }
             }
             n = load(a, from, heap.length(a), n);
-            return heap.makeSet(row, 0, n);
+            return heap.makeRow(KIND_SET, row, 0, n);
         }
 
-        int without(int a, int b) {
-            if (heap.length(b) > heap.length(a)) {
-                return chosen(a, b, false);
-            }
+        private int without(int a, int b) {
             int from = 0;
             int n = 0;
             for (int i = 0; i < heap.length(b); i++) {
@@ -1151,11 +1126,7 @@ public final class SetHouse {
                 from = at < heap.length(a) && heap.same(heap.member(a, at), x) ? at + 1 : at;
             }
             n = load(a, from, heap.length(a), n);
-            return heap.makeSet(row, 0, n);
-        }
-
-        private int common(int a, int b) {
-            return chosen(a, b, true);
+            return heap.makeRow(KIND_SET, row, 0, n);
         }
 
         /** The members of a that b holds, or those that it does not. */
@@ -1163,12 +1134,13 @@ public final class SetHouse {
             int n = 0;
             for (int i = 0; i < heap.length(a) && n < row.length; i++) {
                 int x = heap.member(a, i);
-                if (holds(b, x) == held) {
+                int at = placeOf(b, 0, x);
+                if ((at < heap.length(b) && heap.same(heap.member(b, at), x)) == held) {
                     row[n] = x;
                     n++;
                 }
             }
-            return heap.makeSet(row, 0, n);
+            return heap.makeRow(KIND_SET, row, 0, n);
         }
 
         private boolean isSubset(int a, int b) {
@@ -1246,13 +1218,18 @@ public final class SetHouse {
                 }
             }
             int kept = 0;
+            int size = 1;
             for (int i = 0; i < n; i++) {
                 int x = in[start + i];
                 if (insert(in, start, kept, start + kept, x)) {
                     kept++;
+                    size = size + heap.size(x);
+                    if (size > MOST_SIZE) {
+                        return ERROR_SIZE;
+                    }
                 }
             }
-            return heap.makeSet(in, start, kept);
+            return heap.makeRow(KIND_SET, in, start, kept);
         }
 
         // ------------------------------------------------ prefixes and words
@@ -1342,7 +1319,7 @@ public final class SetHouse {
                     n++;
                 }
             }
-            return heap.makeSet(row, 0, n);
+            return heap.makeRow(KIND_SET, row, 0, n);
         }
 
         private int range(int map) {
@@ -1352,7 +1329,7 @@ public final class SetHouse {
                     n++;
                 }
             }
-            return heap.makeSet(row, 0, n);
+            return heap.makeRow(KIND_SET, row, 0, n);
         }
 
         /** The subsets, made in THE ORDER: each one's beginnings come before it. */
@@ -1378,13 +1355,13 @@ public final class SetHouse {
                 chosen = chosen | 1 << last;
                 few[used] = heap.member(set, last);
                 used++;
-                row[made] = heap.makeSet(few, 0, used);
+                row[made] = heap.makeRow(KIND_SET, few, 0, used);
                 if (isError(row[made])) {
                     return row[made];
                 }
                 made++;
             }
-            return heap.makeSet(row, 0, made);
+            return heap.makeRow(KIND_SET, row, 0, made);
         }
 
         private static int highest(int bits) {
@@ -1403,11 +1380,15 @@ public final class SetHouse {
             return (less == TRUE) == least ? a : b;
         }
 
-        /** a, b and so on, as far as they do not pass c. */
+        /** a, b and so on, as far as they do not pass c; b is om where a + 1 is meant. */
         int progression(int a, int b, int c, boolean set) {
-            // The b of { a .. c } is no whole any more where a is the greatest one.
-            int direction = isError(b) ? 1 : heap.compare(b, a);
-            int step = isError(b) ? b : wholes.difference(b, a);
+            if (!areWholes(a, c) || (b != OM && heap.kind(b) != KIND_WHOLE)) {
+                return ERROR_KIND;
+            }
+            int second = b == OM ? wholes.added(a, ONE, false) : b;
+            // Behind the greatest whole there is none.
+            int direction = isError(second) ? 1 : heap.compare(second, a);
+            int step = isError(second) ? second : wholes.added(second, a, true);
             int size = 1;
             int n = 0;
             int x = a;
@@ -1419,8 +1400,8 @@ public final class SetHouse {
                 }
                 row[n] = x;
                 n++;
-                // b itself where the step is too wide to be a whole; all behind it passes c then.
-                x = i == 0 ? b : isError(step) ? step : wholes.sum(x, step);
+                // Where the step is too wide to be a whole all behind the second one passes c.
+                x = i == 0 ? second : isError(step) ? step : wholes.added(x, step, false);
             }
             if (!set) {
                 return heap.makeTuple(row, 0, n);
@@ -1430,7 +1411,7 @@ public final class SetHouse {
                 row[i] = row[n - 1 - i];
                 row[n - 1 - i] = other;
             }
-            return heap.makeSet(row, 0, n);
+            return heap.makeRow(KIND_SET, row, 0, n);
         }
 
         // ------------------------------------------------ parts
@@ -1465,17 +1446,13 @@ public final class SetHouse {
             return pairsTo(f, from, x) == from + 1 ? heap.member(heap.member(f, from), 1) : OM;
         }
 
-        private int first(int map, int i) {
-            return heap.member(heap.member(map, i), 0);
-        }
-
         /** The first place of a map whose pair's first member is not less than x. */
         private int pairsFrom(int map, int x) {
             int low = 0;
             int high = heap.length(map);
             for (int i = 0; i < 32 && low < high; i++) {
                 int middle = (low + high) >>> 1;
-                if (heap.compare(first(map, middle), x) < 0) {
+                if (heap.compare(heap.member(heap.member(map, middle), 0), x) < 0) {
                     low = middle + 1;
                 } else {
                     high = middle;
@@ -1486,7 +1463,7 @@ public final class SetHouse {
 
         private int pairsTo(int map, int from, int x) {
             int to = from;
-            for (int i = from; i < heap.length(map) && heap.same(first(map, i), x); i++) {
+            for (int i = from; i < heap.length(map) && heap.compare(heap.member(heap.member(map, i), 0), x) == 0; i++) {
                 to = i + 1;
             }
             return to;
@@ -1500,13 +1477,13 @@ public final class SetHouse {
                 row[n] = heap.member(heap.member(map, i), 1);
                 n++;
             }
-            return heap.makeSet(row, 0, n);
+            return heap.makeRow(KIND_SET, row, 0, n);
         }
 
         /** 0 where i .. j goes of f, else the error. */
         private int rowError(int f, int i, int j) {
             int k = heap.kind(f);
-            if ((k != KIND_STRING && k != KIND_TUPLE) || !areWholes(i, j)) {
+            if ((k != KIND_STRING && k != KIND_TUPLE) || heap.kind(i) != KIND_WHOLE || heap.kind(j) != KIND_WHOLE) {
                 return ERROR_KIND;
             }
             int from = wholes.clamped(i);
@@ -1533,7 +1510,7 @@ public final class SetHouse {
         int written(int kind, int f, int x, int y, int v) {
             switch (kind) {
                 case Op.PART_ONE:
-                    return withMember(f, x, v);
+                    return heap.isMap(f) ? withPair(f, x, v) : withMember(f, x, v);
                 case Op.PART_ROW:
                     return withSlice(f, x, y, v);
                 default:
@@ -1542,9 +1519,6 @@ public final class SetHouse {
         }
 
         private int withMember(int f, int x, int v) {
-            if (heap.isMap(f)) {
-                return withPair(f, x, v);
-            }
             int k = heap.kind(f);
             boolean goes = k == KIND_TUPLE || (k == KIND_STRING && heap.kind(v) == KIND_STRING && heap.length(v) == 1);
             if (!goes || heap.kind(x) != KIND_WHOLE) {
@@ -1577,7 +1551,7 @@ public final class SetHouse {
         private int pair(int x, int v) {
             few[0] = x;
             few[1] = v;
-            return heap.makeTuple(few, 0, 2);
+            return heap.makeRow(KIND_TUPLE, few, 0, 2);
         }
 
         private int withPair(int f, int x, int v) {
@@ -1592,7 +1566,7 @@ public final class SetHouse {
                 n++;
             }
             n = load(f, to, heap.length(f), n);
-            return heap.makeSet(row, 0, n);
+            return heap.makeRow(KIND_SET, row, 0, n);
         }
 
         private int withSlice(int f, int i, int j, int v) {
@@ -1634,7 +1608,7 @@ public final class SetHouse {
                 n++;
             }
             n = load(f, to, heap.length(f), n);
-            return heap.makeSet(row, 0, n);
+            return heap.makeRow(KIND_SET, row, 0, n);
         }
 
         /** What from (0), fromb (1), frome (2) leave of a value that is not empty. */
@@ -1647,7 +1621,7 @@ public final class SetHouse {
                 return heap.makeString(bytes, 0, to - from);
             }
             int count = load(f, from, to, 0);
-            return way == 0 ? heap.makeSet(row, 0, count) : heap.makeTuple(row, 0, count);
+            return way == 0 ? heap.makeRow(KIND_SET, row, 0, count) : heap.makeTuple(row, 0, count);
         }
     }
 
@@ -1677,7 +1651,6 @@ public final class SetHouse {
         static final int FAIL = 22;
         static final int SUCCEED = 23;
         static final int ASSERT = 24;
-        static final int PRINT = 25;
         // What is put upon the stack, and taken off.
         static final int PUSH = 32;
         static final int LITERAL = 33;
@@ -1695,10 +1668,8 @@ public final class SetHouse {
         static final int SPAN_TUPLE = 51;
         static final int STEPS_SET = 52;
         static final int STEPS_TUPLE = 53;
-        static final int FOLD = 54;
-        static final int FOLD_ON = 55;
-        static final int NEW_ATOM = 56;
-        static final int RANDOM = 57;
+        static final int NEW_ATOM = 54;
+        static final int RANDOM = 55;
         // Iters: of exps, then of fors, whose variables are counted.
         static final int ITER = 64;
         static final int NEXT = 65;
@@ -1720,13 +1691,12 @@ public final class SetHouse {
         static final int PART_ONE = 96;
         static final int PART_ROW = 97;
         static final int PART_ALL = 98;
-        static final int READ = 99;
-        static final int READ_GLOBAL = 100;
-        static final int WRITE = 101;
-        static final int WRITE_GLOBAL = 102;
-        static final int MEMBER = 103;
-        static final int WANT_TUPLE = 104;
-        static final int TAKE = 105;
+        static final int MEMBER = 99;
+        static final int WANT_TUPLE = 100;
+        static final int TAKE = 101;
+        // What brings members together.
+        static final int FOLD = 112;
+        static final int FOLD_ON = 113;
         // Operators of two.
         static final int ADD = 128;
         static final int SUB = 129;
@@ -1756,6 +1726,12 @@ public final class SetHouse {
         static final int CHAR = 169;
         static final int CODE = 170;
         static final int REV = 171;
+        // Targets, of the frame in use or of the program's.
+        static final int READ = 176;
+        static final int READ_GLOBAL = 177;
+        static final int WRITE = 192;
+        static final int WRITE_GLOBAL = 193;
+        static final int PRINT = 208;
     }
 
     /** The tape, and the token on it that is looked at. */
@@ -2267,24 +2243,24 @@ public final class SetHouse {
         }
 
         private void expect(int kind) {
-            want(kind);
+            if (lex.kind != kind) {
+                refuse(2, lex.start);
+            }
             lex.advance();
         }
 
-        private void checkOpen() {
+        private void opens() {
             if (open >= MOST_OPEN) {
                 refuse(3, lex.start);
             }
-        }
-
-        private void opens() {
-            checkOpen();
             open++;
             lex.advance();
         }
 
         private void closes(int kind) {
-            want(kind);
+            if (lex.kind != kind) {
+                refuse(2, lex.start);
+            }
             open--;
             lex.advance();
         }
@@ -2309,28 +2285,20 @@ public final class SetHouse {
             lex.advance();
             boolean more = true;
             for (int i = 0; i <= MOST_TAPE && more; i++) {
-                more = declaration();
+                if (lex.kind == Lexer.VAR) {
+                    variables(0);
+                } else if (lex.kind == Lexer.FUNC) {
+                    function();
+                } else if (lex.kind == Lexer.PROC) {
+                    procedure();
+                } else {
+                    more = false;
+                }
             }
             p.entry = p.size;
             block();
             want(Lexer.FINISH);
             p.emit(Op.END, 0);
-        }
-
-        private boolean declaration() {
-            switch (lex.kind) {
-                case Lexer.VAR:
-                    variables(0);
-                    return true;
-                case Lexer.FUNC:
-                    function();
-                    return true;
-                case Lexer.PROC:
-                    procedure();
-                    return true;
-                default:
-                    return false;
-            }
         }
 
         private void variables(int from) {
@@ -2352,7 +2320,9 @@ public final class SetHouse {
         }
 
         private void checkName(int from) {
-            want(Lexer.NAME);
+            if (lex.kind != Lexer.NAME) {
+                refuse(2, lex.start);
+            }
             if (p.isToldFrom(from, lex.high, lex.low)) {
                 refuse(4, lex.start);
             }
@@ -2487,8 +2457,9 @@ public final class SetHouse {
 
         private void checkStatement() {
             int kind = lex.kind;
-            if (kind == Lexer.SQUARE || kind == Lexer.IF || kind == Lexer.WHILE || kind == Lexer.FOR) {
-                checkOpen();
+            boolean opening = kind == Lexer.SQUARE || kind == Lexer.IF || kind == Lexer.WHILE || kind == Lexer.FOR;
+            if (opening && open >= MOST_OPEN) {
+                refuse(3, lex.start);
             }
             if (p.statements >= MOST_STATEMENTS) {
                 refuse(8, lex.start);
@@ -3514,6 +3485,7 @@ public final class SetHouse {
         private final Run[] runs = new Run[MOST + 1];
         // Of each one its stack, then its points.
         private final int[][] rows = new int[MOST + 1][16];
+        private final int[] weights = new int[MOST + 1];
         private int saved;
         private boolean near;
         private int gap;
@@ -3552,21 +3524,23 @@ public final class SetHouse {
 
         /** A place among the eight for a run as it is, or NONE. */
         int placeFor(Run run) {
-            for (int i = 0; i < 30 && (saved == MOST || weightWith(run) > MOST_WEIGHT) && saved > 0; i++) {
+            int weight = run.weight();
+            for (int i = 0; i < 30 && (saved == MOST || weightWith(weight) > MOST_WEIGHT) && saved > 0; i++) {
                 thinOut();
             }
             nextAt = (run.begun / gap + 1) * gap;
-            if (run.begun % gap != 0 || weightWith(run) > MOST_WEIGHT) {
+            if (run.begun % gap != 0 || weightWith(weight) > MOST_WEIGHT) {
                 return NONE;
             }
+            weights[saved] = weight;
             saved++;
             return saved - 1;
         }
 
-        private int weightWith(Run run) {
-            int weight = run.weight();
+        private int weightWith(int one) {
+            int weight = one;
             for (int i = 0; i < saved; i++) {
-                weight = weight + runs[i].weight();
+                weight = weight + weights[i];
             }
             return weight;
         }
@@ -3582,6 +3556,7 @@ public final class SetHouse {
                     rows[i] = rows[n];
                     runs[n] = run;
                     rows[n] = row;
+                    weights[n] = weights[i];
                     n++;
                 }
             }
@@ -3674,9 +3649,8 @@ public final class SetHouse {
             run.atoms = 0;
             run.printed = 0;
             run.seed = firstSeed;
-            pushRaws(HEAD);
-            pushOms(program.frames[0]);
-            advance(0);
+            pushAll(RAW_TAG, HEAD);
+            pushAll(OM, program.frames[0]);
         }
 
         /** So many statements at most; then it stands where the next one would be begun. */
@@ -3708,21 +3682,19 @@ public final class SetHouse {
             run.sp = run.fp + HEAD + program.frames[unit];
         }
 
-        void goBack(int begun) {
-            if (run.begun == begun) {
-                return;
-            }
+        /** The run is as it was at a statement from which it may go on to this one: how many are between. */
+        int goBack(int begun) {
             int at = saves.newest(begun);
             if (at == NONE) {
                 restart();
-            } else {
-                run.copyFrom(saves.runs[at]);
-                stack = grown(stack, run.sp);
-                points = grown(points, run.pointTop);
-                System.arraycopy(saves.rows[at], 0, stack, 0, run.sp);
-                System.arraycopy(saves.rows[at], run.sp, points, 0, run.pointTop);
+                return begun;
             }
-            advance(begun - run.begun);
+            run.copyFrom(saves.runs[at]);
+            stack = grown(stack, run.sp);
+            points = grown(points, run.pointTop);
+            System.arraycopy(saves.rows[at], 0, stack, 0, run.sp);
+            System.arraycopy(saves.rows[at], run.sp, points, 0, run.pointTop);
+            return begun - run.begun;
         }
 
         /** An exp's value, or its error as a raw number; workDone is its WORK. */
@@ -3738,8 +3710,8 @@ public final class SetHouse {
             trouble = 0;
             funcs = 0;
             depths = 0;
-            pushRaws(HEAD);
-            pushOms(frame);
+            pushAll(RAW_TAG, HEAD);
+            pushAll(OM, frame);
             execute();
             int answer = trouble != 0 ? raw(trouble) : stack[run.sp - 1];
             workDone = run.work;
@@ -3793,7 +3765,7 @@ public final class SetHouse {
                         data(op, number, at);
                         break;
                     case 3:
-                        makeValue(op, number, at);
+                        makeValue(op, number);
                         break;
                     case 4:
                         iterate(op, number, at);
@@ -3804,12 +3776,24 @@ public final class SetHouse {
                     case 6:
                         partly(op, number, at);
                         break;
+                    case 7:
+                        foldOn(op, number, at);
+                        break;
                     case 8:
                         run.sp--;
                         replace(algebra.binary(op, stack[run.sp - 1], stack[run.sp]));
                         break;
-                    default:
+                    case 10:
                         replace(algebra.unary(op, stack[run.sp - 1]));
+                        break;
+                    case 11:
+                        read(op == Op.READ ? run.fp + HEAD + number : HEAD + number, at);
+                        break;
+                    case 12:
+                        write(op == Op.WRITE ? run.fp + HEAD + number : HEAD + number, at, op == Op.WRITE);
+                        break;
+                    default:
+                        print(number);
                         break;
                 }
             }
@@ -3823,7 +3807,8 @@ public final class SetHouse {
         private void spend(int n) {
             run.work = run.work + n;
             if (run.work > MOST_WORK) {
-                fail(11);
+                trouble = 11;
+                halted = true;
             }
         }
 
@@ -3835,16 +3820,10 @@ public final class SetHouse {
             run.sp++;
         }
 
-        private void pushRaws(int n) {
-            for (int i = 0; i < n; i++) {
-                push(RAW_TAG);
-            }
-        }
-
-        private void pushOms(int n) {
-            for (int i = 0; i < n; i++) {
-                push(OM);
-            }
+        private void pushAll(int h, int n) {
+            stack = grown(stack, run.sp + n);
+            Arrays.fill(stack, run.sp, run.sp + n, h);
+            run.sp = run.sp + n;
         }
 
         private int pop() {
@@ -3961,10 +3940,7 @@ public final class SetHouse {
         private void callsAndPoints(int op, int number) {
             switch (op) {
                 case Op.FRAME:
-                    pushRaws(HEAD);
-                    break;
-                case Op.PRINT:
-                    print(number);
+                    pushAll(RAW_TAG, HEAD);
                     break;
                 case Op.CALL_FUNC:
                     callFunc(number);
@@ -4014,7 +3990,7 @@ public final class SetHouse {
             stack[frame + 2] = raw(note);
             stack[frame + 3] = raw(caller);
             run.fp = frame;
-            pushOms(program.frames[unit] - program.params[unit]);
+            pushAll(OM, program.frames[unit] - program.params[unit]);
             run.pc = program.entries[unit];
         }
 
@@ -4169,7 +4145,7 @@ public final class SetHouse {
             }
         }
 
-        private void makeValue(int op, int number, int at) {
+        private void makeValue(int op, int number) {
             switch (op) {
                 case Op.MAKE_SET:
                     run.sp = run.sp - number;
@@ -4182,18 +4158,12 @@ public final class SetHouse {
                 case Op.SPAN_SET:
                 case Op.SPAN_TUPLE:
                     run.sp--;
-                    replace(span(stack[run.sp - 1], stack[run.sp], op == Op.SPAN_SET));
+                    replace(algebra.progression(stack[run.sp - 1], OM, stack[run.sp], op == Op.SPAN_SET));
                     break;
                 case Op.STEPS_SET:
                 case Op.STEPS_TUPLE:
                     run.sp = run.sp - 2;
-                    replace(steps(stack[run.sp - 1], stack[run.sp], stack[run.sp + 1], op == Op.STEPS_SET));
-                    break;
-                case Op.FOLD:
-                    fold();
-                    break;
-                case Op.FOLD_ON:
-                    foldOn(number, at);
+                    replace(steps(op == Op.STEPS_SET));
                     break;
                 case Op.NEW_ATOM:
                     newAtom();
@@ -4204,18 +4174,10 @@ public final class SetHouse {
             }
         }
 
-        private int span(int a, int c, boolean set) {
-            if (heap.kind(a) != KIND_WHOLE || heap.kind(c) != KIND_WHOLE) {
-                return ERROR_KIND;
-            }
-            return algebra.progression(a, wholes.sum(a, ONE), c, set);
-        }
-
-        private int steps(int a, int b, int c, boolean set) {
-            if (heap.kind(a) != KIND_WHOLE || heap.kind(b) != KIND_WHOLE || heap.kind(c) != KIND_WHOLE) {
-                return ERROR_KIND;
-            }
-            return algebra.progression(a, b, c, set);
+        private int steps(boolean set) {
+            int second = stack[run.sp];
+            // om stands for none where it is asked for a row with two ends.
+            return second == OM ? ERROR_KIND : algebra.progression(stack[run.sp - 1], second, stack[run.sp + 1], set);
         }
 
         private void fold() {
@@ -4232,7 +4194,11 @@ public final class SetHouse {
         }
 
         /** One member more, and this instruction again; or the answer. */
-        private void foldOn(int way, int at) {
+        private void foldOn(int op, int way, int at) {
+            if (op == Op.FOLD) {
+                fold();
+                return;
+            }
             int next = unraw(stack[run.sp - 1]);
             int sofar = stack[run.sp - 2];
             int row = stack[run.sp - 3];
@@ -4274,7 +4240,7 @@ public final class SetHouse {
             if (kind != KIND_WHOLE) {
                 return ERROR_KIND;
             }
-            int n = from < 0 ? Wholes.number(from) : heap.length(from) == 1 ? heap.limb(from, 0) : 0;
+            int n = from < 0 ? Wholes.number(from) : heap.length(from) == 1 ? heap.mem[from + 1] : 0;
             if (n < 1 || wholes.isBelow(from)) {
                 return ERROR_PLACE;
             }
@@ -4421,7 +4387,7 @@ public final class SetHouse {
                 int members = run.sp - 2 - n;
                 run.sp = members;
                 give(size > 2 * MOST_SIZE ? ERROR_SIZE : op == Op.GATHERED_SET
-                        ? heap.makeSet(stack, members, n) : heap.makeTuple(stack, members, n));
+                        ? heap.makeRow(KIND_SET, stack, members, n) : heap.makeTuple(stack, members, n));
             }
         }
 
@@ -4472,18 +4438,6 @@ public final class SetHouse {
                     run.sp = run.sp - 2;
                     replace(algebra.part(op, stack[run.sp - 1], stack[run.sp], stack[run.sp + 1]));
                     break;
-                case Op.READ:
-                    read(run.fp + HEAD + number, at);
-                    break;
-                case Op.READ_GLOBAL:
-                    read(HEAD + number, at);
-                    break;
-                case Op.WRITE:
-                    write(run.fp + HEAD + number, at, true);
-                    break;
-                case Op.WRITE_GLOBAL:
-                    write(HEAD + number, at, false);
-                    break;
                 case Op.MEMBER:
                     push(heap.member(stack[run.sp - 1], number));
                     break;
@@ -4499,35 +4453,34 @@ public final class SetHouse {
         }
 
         private void read(int slot, int at) {
-            int values = run.sp - program.code[at + 1];
+            int value = run.sp - program.code[at + 1];
             int parts = program.code[at + 2];
             run.pc = at + 3 + parts;
             push(stack[slot]);
-            readParts(values, at + 3, parts);
-        }
-
-        /** The stack's top, by part after part: the place behind their values. */
-        private int readParts(int values, int kinds, int parts) {
-            int value = values;
             for (int i = 0; i < parts && trouble == 0; i++) {
                 makeRoom();
-                int kind = program.code[kinds + i];
+                int kind = program.code[at + 3 + i];
                 replace(algebra.part(kind, stack[run.sp - 1], stack[value], stack[value + 1]));
                 value = value + (kind == Op.PART_ROW ? 2 : 1);
             }
-            return value;
         }
 
-        /** The stack's top is what is written. What the target's parts have is laid above it, as it is read. */
+        /**
+         * The stack's top is what is written. What the target's name and its parts but the last have is laid
+         * above it as it is read, so that cells may move meanwhile.
+         */
         private void write(int slot, int at, boolean local) {
-            int value = run.sp - program.code[at + 1];
-            int parts = program.code[at + 2];
             int top = run.sp;
+            int value = top - program.code[at + 1];
+            int parts = program.code[at + 2];
             run.pc = at + 3 + parts;
             push(stack[slot]);
             for (int i = 0; i < parts - 1 && trouble == 0; i++) {
-                push(stack[run.sp - 1]);
-                value = readParts(value, at + 3 + i, 1);
+                makeRoom();
+                int kind = program.code[at + 3 + i];
+                push(OM);
+                replace(algebra.part(kind, stack[run.sp - 2], stack[value], stack[value + 1]));
+                value = value + (kind == Op.PART_ROW ? 2 : 1);
             }
             push(stack[top - 1]);
             for (int i = parts - 1; i >= 0 && trouble == 0; i--) {
@@ -4644,6 +4597,7 @@ public final class SetHouse {
         }
         hasRun = true;
         machine.open(current, seed);
+        machine.advance(0);
     }
 
     private void wantRun() {
@@ -4666,7 +4620,9 @@ public final class SetHouse {
         if (n < 0 || n > machine.run.begun) {
             throw new IllegalArgumentException();
         }
-        machine.goBack(machine.run.begun - n);
+        if (n > 0) {
+            machine.advance(machine.goBack(machine.run.begun - n));
+        }
         return machine.run.begun;
     }
 
@@ -4798,8 +4754,8 @@ public final class SetHouse {
             kept[at + 1] = EMPTY_SET;
             kept[at + 2] = EMPTY_SET;
         } else if (sets) {
-            kept[at + 1] = algebra.without(now, before);
-            kept[at + 2] = algebra.without(before, now);
+            kept[at + 1] = algebra.binary(Op.SUB, now, before);
+            kept[at + 2] = algebra.binary(Op.SUB, before, now);
         } else {
             kept[at + 1] = now;
             kept[at + 2] = before;
