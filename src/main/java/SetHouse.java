@@ -1765,6 +1765,9 @@ public final class SetHouse {
         static final int HASH = 26;
         static final int SLASH = 27;
         static final int DOTS = 28;
+        private static final int DOT = 29;
+        private static final int UNDERSCORE = 30;
+        private static final int BLANK = 31;
         // The words, as they stand in WORDS.
         static final int VAR = 32;
         static final int PROC = 33;
@@ -1823,6 +1826,18 @@ public final class SetHouse {
         private static final int WORD_COUNT = 53;
         private static final String WORDS = "var proc func rd wr rw end if then elseif else while do for in notin subset quit continue return print assert stop succeed fail from fromb frome om true false ok and or not div mod exists forall abs arb domain range pow type str char code min max rev newat random ";
 
+        // What a byte below 128 is, or begins with.
+        private static final byte[] CLASSES = {
+            0, 0, 0, 0, 0, 0, 0, 0, 0, 31, 31, 0, 0, 31, 0, 0,
+            0, 0, 0, 0, 0, 0, 0, 0, 0, 0, 0, 0, 0, 0, 0, 0,
+            31, 0, 4, 26, 0, 0, 0, 0, 10, 11, 8, 6, 16, 7, 29, 27,
+            3, 3, 3, 3, 3, 3, 3, 3, 3, 3, 18, 17, 22, 20, 24, 0,
+            0, 2, 2, 2, 2, 2, 2, 2, 2, 2, 2, 2, 2, 2, 2, 2,
+            2, 2, 2, 2, 2, 2, 2, 2, 2, 2, 2, 14, 0, 15, 0, 30,
+            0, 2, 2, 2, 2, 2, 2, 2, 2, 2, 2, 2, 2, 2, 2, 2,
+            2, 2, 2, 2, 2, 2, 2, 2, 2, 2, 2, 12, 19, 13, 0, 0
+        };
+
         private byte[] tape = new byte[512];
         private int length;
         private int kind;
@@ -1865,151 +1880,59 @@ public final class SetHouse {
             end = 0;
         }
 
-        private static boolean isBlank(int c) {
-            return c == ' ' || c == 9 || c == 10 || c == 13;
-        }
-
-        private static boolean isLetter(int c) {
-            return (c >= 'a' && c <= 'z') || (c >= 'A' && c <= 'Z');
-        }
-
-        private static boolean isDigit(int c) {
-            return c >= '0' && c <= '9';
-        }
-
-        /** The next token is looked at; what is none is thrown, its place being start (fault 1). */
+        /**
+         * The next token is looked at; what is none is thrown, its place being start (fault 1). All is done
+         * here, as this is called from deep within.
+         */
         void advance() {
-            start = skipped(end);
-            int c = tape[start] & 255;
-            if (start >= length) {
-                kind = FINISH;
-                end = start;
-            } else if (isLetter(c)) {
-                readName();
-            } else if (isDigit(c)) {
-                readNumber();
-            } else if (c == '"') {
-                readString();
-            } else {
-                kind = sign(c, tape[start + 1]);
-                end = start + (isDouble(kind) ? 2 : 1);
+            int at = end;
+            boolean note = false;
+            boolean between = true;
+            for (int i = end; i < length && between; i++) {
+                int c = tape[i];
+                note = note ? c != 10 : c == '-' && tape[i + 1] == '-';
+                between = note || (c >= 0 && CLASSES[c] == BLANK);
+                at = between ? i + 1 : i;
             }
-            if (kind == BAD) {
+            start = at;
+            end = at < length ? at + 1 : at;
+            kind = at >= length ? FINISH : tape[at] < 0 ? BAD : CLASSES[tape[at]];
+            int next = tape[end];
+            if (kind == NAME) {
+                high = 0;
+                low = 0;
+                int part = NAME;
+                for (int i = at; i < length && (part == NAME || part == NUMBER || part == UNDERSCORE); i++) {
+                    high = i - at < 8 ? high << 8 | tape[i] : high;
+                    low = i - at < 8 ? low : low << 8 | tape[i];
+                    end = i + 1;
+                    part = tape[end] < 0 ? BAD : CLASSES[tape[end]];
+                }
+                kind = end - at > 16 ? BAD : NAME;
+                for (int w = 0; w < words.length && end - at <= 8; w++) {
+                    kind = words[w] == high ? FIRST_WORD + w : kind;
+                }
+            } else if (kind == NUMBER) {
+                for (int i = at; i < length && tape[i] >= '0' && tape[i] <= '9'; i++) {
+                    end = i + 1;
+                }
+                kind = end - at > 60 ? BAD : NUMBER;
+            } else if (kind == STRING) {
+                for (int i = at + 1; i < length && (tape[i] & 255) >= 32 && tape[i] != '"'; i++) {
+                    end = i + 1;
+                }
+                kind = end < length && tape[end] == '"' && end - at - 1 <= 100 ? STRING : BAD;
+                end++;
+            } else if (next == '=' && (kind == SLASH || kind == LT || kind == GT || kind == COLON)) {
+                kind = kind == COLON ? ASSIGN : kind == SLASH ? NE : kind + 1;
+                end++;
+            } else if ((kind == STAR && next == '*') || (kind == DOT && next == '.')) {
+                kind = kind == STAR ? POWER : DOTS;
+                end++;
+            }
+            if (kind == BAD || kind == DOT || kind == UNDERSCORE) {
                 throw new IllegalArgumentException();
             }
-        }
-
-        private int skipped(int from) {
-            boolean note = false;
-            for (int i = from; i < length; i++) {
-                int c = tape[i];
-                if (note) {
-                    note = c != 10;
-                } else if (c == '-' && tape[i + 1] == '-') {
-                    note = true;
-                } else if (!isBlank(c)) {
-                    return i;
-                }
-            }
-            return length;
-        }
-
-        private void readName() {
-            end = start;
-            high = 0;
-            low = 0;
-            for (int i = start; i < length && isNameByte(tape[i]); i++) {
-                if (i - start < 8) {
-                    high = high << 8 | tape[i];
-                } else {
-                    low = low << 8 | tape[i];
-                }
-                end = i + 1;
-            }
-            kind = end - start <= 16 ? NAME : BAD;
-            for (int w = 0; w < words.length && end - start <= 8; w++) {
-                if (words[w] == high) {
-                    kind = FIRST_WORD + w;
-                    return;
-                }
-            }
-        }
-
-        private static boolean isNameByte(int c) {
-            return isLetter(c) || isDigit(c) || c == '_';
-        }
-
-        private void readNumber() {
-            end = start;
-            for (int i = start; i < length && isDigit(tape[i]); i++) {
-                end = i + 1;
-            }
-            kind = end - start <= 60 ? NUMBER : BAD;
-        }
-
-        private void readString() {
-            int close = start + 1;
-            for (int i = start + 1; i < length && (tape[i] & 255) >= 32 && tape[i] != '"'; i++) {
-                close = i + 1;
-            }
-            kind = close < length && tape[close] == '"' && close - start - 1 <= 100 ? STRING : BAD;
-            end = close + 1;
-        }
-
-        private static int sign(int c, int next) {
-            switch (c) {
-                case ':':
-                    return next == '=' ? ASSIGN : COLON;
-                case '+':
-                    return PLUS;
-                case '-':
-                    return MINUS;
-                case '*':
-                    return next == '*' ? POWER : STAR;
-                case '/':
-                    return next == '=' ? NE : SLASH;
-                case '<':
-                    return next == '=' ? LE : LT;
-                case '>':
-                    return next == '=' ? GE : GT;
-                case '.':
-                    return next == '.' ? DOTS : BAD;
-                default:
-                    return bracket(c);
-            }
-        }
-
-        private static int bracket(int c) {
-            switch (c) {
-                case '(':
-                    return ROUND;
-                case ')':
-                    return ROUND_END;
-                case '{':
-                    return CURLY;
-                case '}':
-                    return CURLY_END;
-                case '[':
-                    return SQUARE;
-                case ']':
-                    return SQUARE_END;
-                case ',':
-                    return COMMA;
-                case ';':
-                    return SEMICOLON;
-                case '|':
-                    return BAR;
-                case '=':
-                    return EQ;
-                case '#':
-                    return HASH;
-                default:
-                    return BAD;
-            }
-        }
-
-        private static boolean isDouble(int kind) {
-            return kind == ASSIGN || kind == POWER || kind == NE || kind == LE || kind == GE || kind == DOTS;
         }
     }
 
@@ -2066,7 +1989,10 @@ public final class SetHouse {
         }
 
         int emit(int op, int number) {
-            return word(op | number << 8);
+            code = grown(code, size + 1);
+            code[size] = op | number << 8;
+            size++;
+            return size - 1;
         }
 
         int word(int word) {
@@ -2077,9 +2003,9 @@ public final class SetHouse {
         }
 
         void words(int[] from, int start, int n) {
-            for (int i = start; i < start + n; i++) {
-                word(from[i]);
-            }
+            code = grown(code, size + n);
+            System.arraycopy(from, start, code, size, n);
+            size = size + n;
         }
 
         void aim(int jump, int to) {
@@ -2182,7 +2108,20 @@ public final class SetHouse {
             into.empty();
             begin(into, 0, ALL);
             try {
-                wholeProgram();
+                lex.advance();
+                for (int i = 0; i <= MOST_TAPE && lex.kind >= Lexer.VAR && lex.kind <= Lexer.FUNC; i++) {
+                    if (lex.kind == Lexer.VAR) {
+                        variables(0);
+                    } else if (lex.kind == Lexer.FUNC) {
+                        function();
+                    } else {
+                        procedure();
+                    }
+                }
+                into.entry = into.size;
+                block();
+                want(Lexer.FINISH);
+                into.emit(Op.END, 0);
                 return true;
             } catch (IllegalArgumentException e) {
                 noteFault();
@@ -2205,7 +2144,10 @@ public final class SetHouse {
             of.openUnit(Program.VIEW_UNIT);
             begin(of, Program.VIEW_UNIT, allowedWords);
             try {
-                wholeExp();
+                lex.advance();
+                exp(0);
+                want(Lexer.FINISH);
+                of.emit(Op.END_VIEW, 0);
                 return true;
             } catch (IllegalArgumentException e) {
                 noteFault();
@@ -2273,33 +2215,6 @@ public final class SetHouse {
         }
 
         // ------------------------------------------------ programs
-
-        private void wholeExp() {
-            lex.advance();
-            exp(0);
-            want(Lexer.FINISH);
-            p.emit(Op.END_VIEW, 0);
-        }
-
-        private void wholeProgram() {
-            lex.advance();
-            boolean more = true;
-            for (int i = 0; i <= MOST_TAPE && more; i++) {
-                if (lex.kind == Lexer.VAR) {
-                    variables(0);
-                } else if (lex.kind == Lexer.FUNC) {
-                    function();
-                } else if (lex.kind == Lexer.PROC) {
-                    procedure();
-                } else {
-                    more = false;
-                }
-            }
-            p.entry = p.size;
-            block();
-            want(Lexer.FINISH);
-            p.emit(Op.END, 0);
-        }
 
         private void variables(int from) {
             lex.advance();
@@ -2559,14 +2474,16 @@ public final class SetHouse {
                 exp(0);
             }
             int ends = 0;
-            int otherwise = thenJump();
+            expect(Lexer.THEN);
+            int otherwise = p.emit(Op.JUMP_FALSE, 0);
             block();
             for (int i = 0; i <= MOST_TAPE && lex.kind == Lexer.ELSEIF; i++) {
                 ends = p.emit(Op.JUMP, ends);
                 p.aim(otherwise, p.size);
                 lex.advance();
                 exp(0);
-                otherwise = thenJump();
+                expect(Lexer.THEN);
+                otherwise = p.emit(Op.JUMP_FALSE, 0);
                 block();
             }
             if (lex.kind == Lexer.ELSE) {
@@ -2581,11 +2498,6 @@ public final class SetHouse {
                 p.aim(otherwise, p.size);
             }
             aimAll(ends);
-        }
-
-        private int thenJump() {
-            expect(Lexer.THEN);
-            return p.emit(Op.JUMP_FALSE, 0);
         }
 
         private void whileStatement(int begin) {
@@ -2646,16 +2558,23 @@ public final class SetHouse {
             }
             if (what == Program.PROC) {
                 kept = 0;
-                call(p.slot[name]);
+                call(p.slot[name], 0);
                 p.emit(Op.DROP, 1 + p.params[p.slot[name]]);
                 return;
             }
             int from = p.size;
-            int target = targetParts(name);
+            int target = target(name);
             switch (lex.kind) {
                 case Lexer.ASSIGN:
                     lex.advance();
-                    assignment(target, from);
+                    name = lex.kind == Lexer.NAME ? p.found(lex.high, lex.low) : NONE;
+                    if (name != NONE && p.what[name] == Program.PROC) {
+                        postponeTarget(from);
+                        call(p.slot[name], kept);
+                        assignResult(target, p.slot[name]);
+                    } else {
+                        assignment(target);
+                    }
                     break;
                 case Lexer.PLUS:
                 case Lexer.MINUS:
@@ -2665,7 +2584,9 @@ public final class SetHouse {
                 case Lexer.FROM:
                 case Lexer.FROMB:
                 case Lexer.FROME:
-                    taking(target, lex.kind - Lexer.FROM);
+                    int way = lex.kind - Lexer.FROM;
+                    lex.advance();
+                    taking(target, target(NONE), way);
                     break;
                 default:
                     refuse(2, lex.start);
@@ -2681,18 +2602,17 @@ public final class SetHouse {
             return p.found(high, low);
         }
 
-        /** A target's name where it must be a variable's, and its parts. */
-        private int target() {
-            want(Lexer.NAME);
-            int place = lex.start;
-            int name = takenName();
-            if (name == NONE || p.what[name] != Program.VARIABLE) {
-                refuse(5, place);
+        /** A variable's name, if it has not been taken (NONE), and the parts: where it is among the marks. */
+        private int target(int taken) {
+            int name = taken;
+            if (name == NONE) {
+                want(Lexer.NAME);
+                int place = lex.start;
+                name = takenName();
+                if (name == NONE || p.what[name] != Program.VARIABLE) {
+                    refuse(5, place);
+                }
             }
-            return targetParts(name);
-        }
-
-        private int targetParts(int name) {
             int target = mark(p.slot[name]);
             mark(p.owner[name]);
             mark(0);
@@ -2715,25 +2635,15 @@ public final class SetHouse {
             p.words(marks, target + TARGET_HEAD, marks[target + 3]);
         }
 
-        private void writeAndDrop(int target) {
-            int values = marks[target + 2];
-            emitTarget(Op.WRITE, target, values + 1);
-            p.emit(Op.DROP, values + 1);
-        }
-
-        private void assignment(int target, int from) {
-            int name = lex.kind == Lexer.NAME ? p.found(lex.high, lex.low) : NONE;
-            if (name != NONE && p.what[name] == Program.PROC) {
-                assignedCall(target, from, p.slot[name]);
-                return;
-            }
+        private void assignment(int target) {
             if (lex.kind == Lexer.OK && marks[target + 3] == 0) {
                 lex.advance();
                 p.emit(Op.POINT, 0);
             } else {
                 exp(0);
             }
-            writeAndDrop(target);
+            emitTarget(Op.WRITE, target, marks[target + 2] + 1);
+            p.emit(Op.DROP, marks[target + 2] + 1);
         }
 
         private void operation(int target, int sign) {
@@ -2743,12 +2653,11 @@ public final class SetHouse {
             emitTarget(Op.READ, target, marks[target + 2] + 1);
             p.emit(Op.SWAP, 0);
             p.emit(sign == Lexer.PLUS ? Op.ADD : sign == Lexer.MINUS ? Op.SUB : Op.MUL, 0);
-            writeAndDrop(target);
+            emitTarget(Op.WRITE, target, marks[target + 2] + 1);
+            p.emit(Op.DROP, marks[target + 2] + 1);
         }
 
-        private void taking(int target, int way) {
-            lex.advance();
-            int source = target();
+        private void taking(int target, int source, int way) {
             int values = marks[target + 2];
             int sourceValues = marks[source + 2];
             emitTarget(Op.READ, source, sourceValues);
@@ -2763,17 +2672,38 @@ public final class SetHouse {
 
         private void holesStatement() {
             int first = marked;
+            int holes = 0;
+            int values = 0;
+            boolean more = true;
             opens();
-            int holes = 1;
-            int values = hole();
-            for (int i = 0; i <= MOST_TAPE && lex.kind == Lexer.COMMA; i++) {
-                lex.advance();
-                values = values + hole();
+            for (int i = 0; i <= MOST_TAPE && more; i++) {
+                if (lex.kind == Lexer.MINUS) {
+                    lex.advance();
+                    markNoTarget();
+                } else {
+                    values = values + marks[target(NONE) + 2];
+                }
                 holes++;
+                more = lex.kind == Lexer.COMMA;
+                if (more) {
+                    lex.advance();
+                }
             }
             closes(Lexer.SQUARE_END);
             expect(Lexer.ASSIGN);
             exp(0);
+            writeHoles(first, holes, values);
+            marked = first;
+        }
+
+        private void markNoTarget() {
+            mark(NONE);
+            mark(0);
+            mark(0);
+            mark(0);
+        }
+
+        private void writeHoles(int first, int holes, int values) {
             p.emit(Op.WANT_TUPLE, 0);
             int below = values;
             int at = first;
@@ -2787,20 +2717,6 @@ public final class SetHouse {
                 at = at + TARGET_HEAD + marks[at + 3];
             }
             p.emit(Op.DROP, values + 1);
-            marked = first;
-        }
-
-        /** How many values the hole's parts have. */
-        private int hole() {
-            if (lex.kind != Lexer.MINUS) {
-                return marks[target() + 2];
-            }
-            lex.advance();
-            mark(NONE);
-            mark(0);
-            mark(0);
-            mark(0);
-            return 0;
         }
 
         // ------------------------------------------------ calls
@@ -2811,8 +2727,8 @@ public final class SetHouse {
             kept = kept + n;
         }
 
-        /** target := NAME ( .. ): what the target's parts have is worked behind the call. */
-        private void assignedCall(int target, int from, int proc) {
+        /** target := NAME ( .. ): the target's exps are worked behind the call. */
+        private void postponeTarget(int from) {
             int place = lex.start;
             kept = 0;
             keep(p.code, from, p.size - from);
@@ -2821,54 +2737,54 @@ public final class SetHouse {
             if (lex.kind != Lexer.ROUND) {
                 refuse(5, place);
             }
-            int targetCode = kept;
-            call(proc);
-            p.words(later, 0, targetCode);
-            p.emit(Op.PICK, marks[target + 2] + p.params[proc]);
-            writeAndDrop(target);
-            p.emit(Op.DROP, 1 + p.params[proc]);
         }
 
-        /** From the ( on. Behind it the proc's value and its params are upon the stack. */
-        private void call(int proc) {
-            int before = kept;
+        private void assignResult(int target, int proc) {
+            int values = marks[target + 2];
+            p.emit(Op.PICK, values + p.params[proc]);
+            emitTarget(Op.WRITE, target, values + 1);
+            p.emit(Op.DROP, values + 2 + p.params[proc]);
+        }
+
+        /**
+         * From the ( on. Behind it the proc's value and its params are upon the stack, and then what was kept
+         * of the target before it.
+         */
+        private void call(int proc, int before) {
+            int params = p.params[proc];
+            int n = 0;
             p.emit(Op.FRAME, 0);
             opens();
-            int n = 0;
-            if (lex.kind != Lexer.ROUND_END) {
-                argument(proc, 0);
-                n = 1;
-                for (int i = 0; i <= MOST_TAPE && lex.kind == Lexer.COMMA; i++) {
+            boolean more = lex.kind != Lexer.ROUND_END;
+            for (int i = 0; i <= MOST_TAPE && more; i++) {
+                int place = lex.start;
+                int from = p.size;
+                exp(0);
+                int mode = n < params ? p.mode(proc, n) : Program.READ_ONLY;
+                if (mode != Program.READ_ONLY) {
+                    if (targetPlace != place || targetEnd != p.size) {
+                        refuse(6, place);
+                    }
+                    keepTarget(params - 1 - n);
+                }
+                if (mode == Program.WRITE_ONLY) {
+                    p.size = from;
+                    push(OM);
+                }
+                n++;
+                more = lex.kind == Lexer.COMMA;
+                if (more) {
                     lex.advance();
-                    argument(proc, n);
-                    n++;
                 }
             }
             want(Lexer.ROUND_END);
-            if (n != p.params[proc]) {
+            if (n != params) {
                 refuse(6, lex.start);
             }
             closes(Lexer.ROUND_END);
             p.emit(Op.CALL_PROC, proc);
             p.words(later, before, kept - before);
-        }
-
-        private void argument(int proc, int at) {
-            int place = lex.start;
-            int from = p.size;
-            exp(0);
-            int mode = at < p.params[proc] ? p.mode(proc, at) : Program.READ_ONLY;
-            if (mode == Program.READ_ONLY) {
-                return;
-            }
-            if (targetPlace != place || targetEnd != p.size) {
-                refuse(6, place);
-            }
-            keepTarget(p.params[proc] - 1 - at);
-            if (mode == Program.WRITE_ONLY) {
-                p.size = from;
-                push(OM);
-            }
+            p.words(later, 0, before);
         }
 
         /** Keeps the writing of the operand just read, with a param's value that lies so deep. */
@@ -2973,7 +2889,25 @@ public final class SetHouse {
                     prefixed = prefix(first, least);
                 }
                 operand();
-                more = operator(first, least);
+                int level = level(lex.kind);
+                more = level >= least;
+                if (more) {
+                    // Comparisons do not follow each other, and ** takes what is right of it first.
+                    boolean alone = level == LEVEL_REL || level == LEVEL_POWER;
+                    settle(first, alone ? level + 1 : level);
+                    more = level != LEVEL_REL || postponedLevel(first) != LEVEL_REL;
+                }
+                int kind = lex.kind;
+                if (more && level == LEVEL_POWER) {
+                    opens();
+                } else if (more) {
+                    lex.advance();
+                }
+                if (more && level <= LEVEL_AND) {
+                    postpone(level, Op.TRUTH, p.emit(level == LEVEL_OR ? Op.OR_JUMP : Op.AND_JUMP, 0));
+                } else if (more) {
+                    postpone(level, binaryOp(kind), 0);
+                }
             }
             settle(first, 0);
         }
@@ -2983,63 +2917,34 @@ public final class SetHouse {
         }
 
         private void postpone(int level, int op, int more) {
-            mark(level);
-            mark(op);
-            mark(more);
+            marks = grown(marks, marked + POSTPONED);
+            marks[marked] = level;
+            marks[marked + 1] = op;
+            marks[marked + 2] = more;
+            marked = marked + POSTPONED;
         }
 
         /** An operator before an operand, if one stands here. */
         private boolean prefix(int first, int least) {
             int kind = lex.kind;
-            switch (kind) {
-                case Lexer.NOT:
-                    if ((marked == first ? least : postponedLevel(first)) > LEVEL_NOT) {
-                        return false;
-                    }
-                    opens();
-                    postpone(LEVEL_NOT, Op.NOT, 0);
-                    return true;
-                case Lexer.MINUS:
-                case Lexer.HASH:
-                    opens();
-                    postpone(LEVEL_PREFIX, kind == Lexer.MINUS ? Op.NEG : Op.LEN, 0);
-                    return true;
-                case Lexer.PLUS:
-                case Lexer.STAR:
-                case Lexer.MAX:
-                case Lexer.MIN:
-                    opens();
-                    expect(Lexer.SLASH);
-                    postpone(LEVEL_PREFIX, Op.FOLD, kind == Lexer.PLUS ? 0 : kind == Lexer.STAR ? 1 : kind == Lexer.MAX ? 2 : 3);
-                    return true;
-                default:
-                    return false;
-            }
-        }
-
-        /** An operator behind an operand, if one stands here that belongs to this exp. */
-        private boolean operator(int first, int least) {
-            int kind = lex.kind;
-            int level = level(kind);
-            if (level < least) {
+            boolean not = kind == Lexer.NOT && (marked == first ? least : postponedLevel(first)) <= LEVEL_NOT;
+            int way = kind == Lexer.PLUS ? 0 : kind == Lexer.STAR ? 1 : kind == Lexer.MAX ? 2 : kind == Lexer.MIN ? 3 : NONE;
+            if (!not && way == NONE && kind != Lexer.MINUS && kind != Lexer.HASH) {
                 return false;
             }
-            // Comparisons do not follow each other, and ** takes what is right of it first.
-            boolean alone = level == LEVEL_REL || level == LEVEL_POWER;
-            settle(first, alone ? level + 1 : level);
-            if (level == LEVEL_REL && postponedLevel(first) == LEVEL_REL) {
-                return false;
+            if (open >= MOST_OPEN) {
+                refuse(3, lex.start);
             }
-            if (level == LEVEL_POWER) {
-                opens();
+            open++;
+            lex.advance();
+            if (not) {
+                postpone(LEVEL_NOT, Op.NOT, 0);
+            } else if (way == NONE) {
+                postpone(LEVEL_PREFIX, kind == Lexer.MINUS ? Op.NEG : Op.LEN, 0);
             } else {
-                lex.advance();
+                expect(Lexer.SLASH);
+                postpone(LEVEL_PREFIX, Op.FOLD, way);
             }
-            int jump = 0;
-            if (level <= LEVEL_AND) {
-                jump = p.emit(level == LEVEL_OR ? Op.OR_JUMP : Op.AND_JUMP, 0);
-            }
-            postpone(level, level <= LEVEL_AND ? Op.TRUTH : binaryOp(kind), jump);
             return true;
         }
 
@@ -3299,14 +3204,16 @@ public final class SetHouse {
         private void choice() {
             opens();
             exp(0);
-            int otherwise = thenJump();
+            expect(Lexer.THEN);
+            int otherwise = p.emit(Op.JUMP_FALSE, 0);
             exp(0);
             int ends = p.emit(Op.JUMP, 0);
             p.aim(otherwise, p.size);
             for (int i = 0; i <= MOST_TAPE && lex.kind == Lexer.ELSEIF; i++) {
                 lex.advance();
                 exp(0);
-                otherwise = thenJump();
+                expect(Lexer.THEN);
+                otherwise = p.emit(Op.JUMP_FALSE, 0);
                 exp(0);
                 ends = p.emit(Op.JUMP, ends);
                 p.aim(otherwise, p.size);
@@ -3398,27 +3305,26 @@ public final class SetHouse {
             }
         }
 
+        /** Names of an iter are not to be seen before the iters behind it. */
         private void iterNames(int row, boolean several, boolean counted) {
-            if (!several) {
-                iterName(row, counted);
-                return;
+            if (several) {
+                opens();
             }
-            opens();
-            iterName(row, counted);
-            for (int i = 0; i <= MOST_VARIABLES && lex.kind == Lexer.COMMA; i++) {
+            boolean more = true;
+            for (int i = 0; i <= MOST_VARIABLES && more; i++) {
+                checkName(row);
+                p.counted[unit] += counted ? 1 : 0;
+                p.tell(lex.high, lex.low, Program.VARIABLE, unit, p.newSlots(unit, 1));
+                p.hidden[p.names - 1] = true;
                 lex.advance();
-                iterName(row, counted);
+                more = several && lex.kind == Lexer.COMMA;
+                if (more) {
+                    lex.advance();
+                }
             }
-            closes(Lexer.SQUARE_END);
-        }
-
-        /** A name of an iter is not to be seen before the iters behind its own. */
-        private void iterName(int row, boolean counted) {
-            checkName(row);
-            p.counted[unit] += counted ? 1 : 0;
-            p.tell(lex.high, lex.low, Program.VARIABLE, unit, p.newSlots(unit, 1));
-            p.hidden[p.names - 1] = true;
-            lex.advance();
+            if (several) {
+                closes(Lexer.SQUARE_END);
+            }
         }
     }
 
