@@ -148,10 +148,6 @@ public final class SetHouse {
             return tag == BYTE_TAG || (tag == WHOLE_TAG && h != ZERO) ? 2 : 1;
         }
 
-        int height(int h) {
-            return h < 0 ? 0 : (mem[h] >>> 26) & 31;
-        }
-
         /** Members of a tuple or set, bytes of a string, limbs of a whole in the heap. */
         int length(int h) {
             if (h < 0) {
@@ -855,7 +851,7 @@ public final class SetHouse {
             }
         }
 
-        private void put(int b) {
+        void put(int b) {
             if (length < text.length) {
                 text[length] = (byte) b;
                 length++;
@@ -3996,20 +3992,20 @@ public final class SetHouse {
         private void print(int n) {
             for (int i = run.sp - n; i < run.sp; i++) {
                 printer.printPlain(stack[i]);
-                for (int k = 0; k < printer.length; k++) {
-                    putOut(printer.text[k]);
-                }
-                putOut((byte) (i < run.sp - 1 ? ' ' : 10));
+                printer.put(i < run.sp - 1 ? ' ' : 10);
+                putOut();
             }
             run.sp = run.sp - n;
         }
 
-        private void putOut(byte b) {
-            if (run.printed < MOST_KEPT) {
-                output = grownBytes(output, run.printed + 1);
-                output[run.printed] = b;
+        /** What the printer has, as far as it is kept and counted. */
+        private void putOut() {
+            int n = Math.min(printer.length, MOST_KEPT - run.printed);
+            if (n > 0) {
+                output = grownBytes(output, run.printed + n);
+                System.arraycopy(printer.text, 0, output, run.printed, n);
             }
-            run.printed = run.printed < MOST_COUNTED ? run.printed + 1 : run.printed;
+            run.printed = Math.min(run.printed + printer.length, MOST_COUNTED);
         }
 
         // ------------------------------------------------ the stack
