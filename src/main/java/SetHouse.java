@@ -179,7 +179,8 @@ public final class SetHouse {
 
         int copyBytes(int h, int from, int n, byte[] to, int at) {
             for (int i = 0; i < n && at + i < to.length; i++) {
-                to[at + i] = (byte) byteAt(h, from + i);
+                int k = from + i;
+                to[at + i] = (byte) (h < 0 ? h : mem[h + 1 + (k >> 2)] >>> ((k & 3) << 3));
             }
             return at + n;
         }
@@ -198,11 +199,14 @@ public final class SetHouse {
             }
             top = at + 1 + words;
             mem[at] = header(KIND_STRING, 0, n, 1 + words, 0);
-            for (int i = 1; i <= words; i++) {
-                mem[at + i] = 0;
-            }
+            int word = 0;
             for (int i = 0; i < n; i++) {
-                mem[at + 1 + (i >> 2)] |= (from[start + i] & 255) << ((i & 3) << 3);
+                int place = (i & 3) << 3;
+                word = word | (from[start + i] & 255) << place;
+                if (place == 24 || i == n - 1) {
+                    mem[at + 1 + (i >> 2)] = word;
+                    word = 0;
+                }
             }
             return at;
         }
@@ -901,10 +905,8 @@ public final class SetHouse {
         }
 
         private void writeBytes(int h) {
-            int n = heap.length(h);
-            for (int i = 0; i < n; i++) {
-                put(heap.byteAt(h, i));
-            }
+            int n = Math.min(heap.length(h), text.length - length);
+            length = heap.copyBytes(h, 0, n, text, length);
         }
 
         private void writeWord(String word) {
@@ -1065,12 +1067,12 @@ public final class SetHouse {
 
         /** Members from .. to - 1 of a tuple or set into the row: the place behind. */
         private int load(int h, int from, int to, int at) {
-            int n = at;
-            for (int i = from; i < to && n < row.length; i++) {
-                row[n] = heap.member(h, i);
-                n++;
+            int n = Math.min(to - from, row.length - at);
+            if (n <= 0 || h < 0) {
+                return at;
             }
-            return n;
+            System.arraycopy(heap.mem, h + 1 + from, row, at, n);
+            return at + n;
         }
 
         // ------------------------------------------------ sets
@@ -1385,19 +1387,23 @@ public final class SetHouse {
             // Behind the greatest whole there is none.
             int direction = isError(second) ? 1 : heap.compare(second, a);
             int step = isError(second) ? second : wholes.added(second, a, true);
-            int size = 1;
             int n = 0;
-            int x = a;
-            for (int i = 0; i <= MOST_SIZE && direction != 0 && !isError(x)
-                    && heap.compare(x, c) * direction <= 0; i++) {
-                size = size + heap.size(x);
-                if (size > MOST_SIZE) {
-                    return ERROR_SIZE;
+            int size = 1;
+            if (a < 0 && c < 0 && second < 0 && !isError(second)) {
+                n = smallSteps(Wholes.number(a), Wholes.number(second), Wholes.number(c));
+            } else {
+                int x = a;
+                for (int i = 0; i <= MOST_SIZE && size <= MOST_SIZE && direction != 0 && !isError(x)
+                        && heap.compare(x, c) * direction <= 0; i++) {
+                    size = size + heap.size(x);
+                    row[n] = x;
+                    n++;
+                    // Where the step is too wide to be a whole all behind the second one passes c.
+                    x = i == 0 ? second : isError(step) ? step : wholes.added(x, step, false);
                 }
-                row[n] = x;
-                n++;
-                // Where the step is too wide to be a whole all behind the second one passes c.
-                x = i == 0 ? second : isError(step) ? step : wholes.added(x, step, false);
+            }
+            if (size > MOST_SIZE) {
+                return ERROR_SIZE;
             }
             if (!set) {
                 return heap.makeTuple(row, 0, n);
@@ -1408,6 +1414,18 @@ public final class SetHouse {
                 row[n - 1 - i] = other;
             }
             return heap.makeRow(KIND_SET, row, 0, n);
+        }
+
+        /** The like of wholes that fit into handles: how many, no more than just too many. */
+        private int smallSteps(int a, int b, int c) {
+            int n = 0;
+            int x = a;
+            for (int i = 0; i <= MOST_SIZE && b != a && (b > a ? x <= c : x >= c); i++) {
+                row[n] = Wholes.small(x);
+                n++;
+                x = x + b - a;
+            }
+            return n;
         }
 
         // ------------------------------------------------ parts
@@ -2243,7 +2261,7 @@ public final class SetHouse {
             p.variables[unit]++;
         }
 
-        /** The head of a func or proc, as far as its ( : the names before its own. */
+        /** The head of a func or proc, its ( too: where the names of its params will begin. */
         private int tellUnit(int kind) {
             lex.advance();
             want(Lexer.NAME);
@@ -2316,8 +2334,7 @@ public final class SetHouse {
             }
             block();
             expect(Lexer.END);
-            p.emit(Op.PUSH, 0);
-            p.word(OM);
+            push(OM);
             p.emit(Op.END_PROC, 0);
             expect(Lexer.SEMICOLON);
             closeUnit(names);
@@ -3390,7 +3407,8 @@ public final class SetHouse {
         private final int[] weights = new int[MOST + 1];
         private int saved;
         private boolean near;
-        private int gap;
+        // Never less than the first one.
+        private int gap = FIRST_GAP;
         private int nextAt;
         private int nearAt;
 
@@ -3430,8 +3448,9 @@ public final class SetHouse {
             for (int i = 0; i < 30 && (saved == MOST || weightWith(weight) > MOST_WEIGHT) && saved > 0; i++) {
                 thinOut();
             }
-            nextAt = (run.begun / gap + 1) * gap;
-            if (run.begun % gap != 0 || weightWith(weight) > MOST_WEIGHT) {
+            int wide = Math.max(gap, FIRST_GAP);
+            nextAt = (run.begun / wide + 1) * wide;
+            if (run.begun % wide != 0 || weightWith(weight) > MOST_WEIGHT) {
                 return NONE;
             }
             weights[saved] = weight;
@@ -3449,9 +3468,10 @@ public final class SetHouse {
 
         private void thinOut() {
             int n = 0;
-            gap = gap * 2;
+            int wide = 2 * Math.max(gap, FIRST_GAP);
+            gap = wide;
             for (int i = 0; i < saved; i++) {
-                if (runs[i].begun % gap == 0) {
+                if (runs[i].begun % wide == 0) {
                     Run run = runs[i];
                     int[] row = rows[i];
                     runs[i] = runs[n];
