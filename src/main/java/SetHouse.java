@@ -2694,7 +2694,8 @@ public final class SetHouse {
                     lex.advance();
                     markNoTarget();
                 } else {
-                    values = values + marks[target(NONE) + 2];
+                    int target = target(NONE);
+                    values = values + marks[target + 2];
                 }
                 holes++;
                 more = lex.kind == Lexer.COMMA;
