@@ -549,7 +549,9 @@ public final class SetHouse {
             if (n + m > MOST_LIMBS + 1) {
                 return n == 0 || m == 0 ? ZERO : ERROR_SIZE;
             }
-            Arrays.fill(result, 0, n + m, 0);
+            for (int i = 0; i < n + m; i++) {
+                result[i] = 0;
+            }
             for (int i = 0; i < n; i++) {
                 long factor = left[i] & LIMB;
                 long carry = 0;
@@ -3578,7 +3580,7 @@ public final class SetHouse {
 
         /** So many statements at most; then it stands where the next one would be begun. */
         void advance(int statements) {
-            if (run.ended != 0) {
+            if (program == null || run.ended != 0) {
                 return;
             }
             left = statements;
@@ -3745,7 +3747,9 @@ public final class SetHouse {
 
         private void pushAll(int h, int n) {
             stack = grown(stack, run.sp + n);
-            Arrays.fill(stack, run.sp, run.sp + n, h);
+            for (int i = 0; i < n; i++) {
+                stack[run.sp + i] = h;
+            }
             run.sp = run.sp + n;
         }
 
