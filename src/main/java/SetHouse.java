@@ -107,6 +107,8 @@ public final class SetHouse {
      */
     private static final class Heap {
         private static final int FIRST_ROOM = 32768;
+        // Far above what all that is kept at once can need.
+        private static final int MOST_ROOM = 1 << 21;
         // What one instruction may claim before the machine looks at the room again.
         private static final int RESERVE = 6000;
         // Kind, flag and length of a tuple of two.
@@ -395,7 +397,7 @@ public final class SetHouse {
             mem = spare;
             spare = left;
             top = moved;
-            if (top > mem.length / 2) {
+            if (top > mem.length / 2 && mem.length < MOST_ROOM) {
                 mem = Arrays.copyOf(mem, mem.length * 2);
             }
         }
