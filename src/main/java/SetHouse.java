@@ -57,6 +57,10 @@ public final class SetHouse {
     private static final int MOST_STEPS = 20000;
     private static final int MOST_KEPT = 60000;
     private static final int MOST_COUNTED = 2000000000;
+    // What 512 calls can bring onto the tape, all texts together.
+    private static final int MOST_FED = 512 * 20;
+    // Slots that one exp's iters can need: a name and two more for each of the variables that there may be.
+    private static final int MOST_PASSING = 3 * MOST_VARIABLES;
 
     private static final int ERROR_KIND = RAW_TAG + 1;
     private static final int ERROR_ZERO = RAW_TAG + 2;
@@ -81,21 +85,16 @@ public final class SetHouse {
         return b ? TRUE : FALSE;
     }
 
-    /** Rows of ints that grow twofold, so that all that they ever were is at most twice what they are. */
-    private static int[] grown(int[] row, int needed) {
-        int length = row.length < 16 ? 16 : row.length;
-        for (int i = 0; i < 30 && length < needed; i++) {
-            length = length * 2;
-        }
-        return length > row.length ? Arrays.copyOf(row, length) : row;
+    /**
+     * A row that is long enough, as far as its full length goes. It is made anew once at most, so that all
+     * rows that an object ever makes are the first and the full ones.
+     */
+    private static int[] widened(int[] row, int needed, int full) {
+        return needed > row.length && row.length < full ? Arrays.copyOf(row, full) : row;
     }
 
-    private static byte[] grownBytes(byte[] row, int needed) {
-        int length = row.length < 16 ? 16 : row.length;
-        for (int i = 0; i < 30 && length < needed; i++) {
-            length = length * 2;
-        }
-        return length > row.length ? Arrays.copyOf(row, length) : row;
+    private static byte[] widenedBytes(byte[] row, int needed, int full) {
+        return needed > row.length && row.length < full ? Arrays.copyOf(row, full) : row;
     }
 
     // ---------------------------------------------------------------- values
@@ -106,18 +105,20 @@ public final class SetHouse {
      * of members (flag of a set: it is a map). A cell takes no more ints than its value has size.
      */
     private static final class Heap {
-        private static final int FIRST_ROOM = 32768;
-        // Far above what all that is kept at once can need.
-        private static final int MOST_ROOM = 1 << 21;
+        private static final int FIRST_ROOM = 16384;
+        // TOTAL, WORK of one statement, a call's value and params, what is shown and views have (27 values),
+        // and what one instruction may claim come to 143000 at the most.
+        private static final int FULL_ROOM = 160000;
         // What one instruction may claim before the machine looks at the room again.
-        private static final int RESERVE = 6000;
+        private static final int RESERVE = 4000;
         // Kind, flag and length of a tuple of two.
         private static final int PAIR = KIND_TUPLE | 2 << 4;
 
         private int[] mem = new int[FIRST_ROOM];
-        private int[] spare = new int[0];
         private int top = EMPTIES;
-        private int moved;
+        // While cells move: a bit for each int in use, and how many of these are before each 32 of them.
+        private int[] used = new int[FIRST_ROOM / 32];
+        private int[] before = new int[FIRST_ROOM / 32];
 
         Heap() {
             layEmpties(mem);
@@ -223,7 +224,7 @@ public final class SetHouse {
                 return ERROR_ROOM;
             }
             top = at + 1 + n;
-            mem[at] = header(KIND_WHOLE, below ? 1 : 0, n, 1 + n, 0);
+            mem[at] = KIND_WHOLE | (below ? 8 : 0) | n << 4 | (1 + n) << 16;
             System.arraycopy(limbs, 0, mem, at + 1, n);
             return at;
         }
@@ -347,59 +348,93 @@ public final class SetHouse {
             return belowA ? -c : c;
         }
 
-        // ------------------------------------------------ what is in use moves to the spare room
+        // ------------------------------------------------ what is in use moves down
 
         boolean isTight() {
             return mem.length - top < RESERVE;
         }
 
-        void beginMoving() {
-            if (spare.length < mem.length) {
-                spare = new int[mem.length];
-                layEmpties(spare);
-            }
-            moved = EMPTIES;
+        /** So little is left that room would have to be made again and again. */
+        boolean isScarce() {
+            return mem.length - top < mem.length / 8;
         }
 
+        /** More than half of the first room is in use: it is time for the full one. */
+        void widen() {
+            if (top > mem.length / 2) {
+                mem = widened(mem, FULL_ROOM, FULL_ROOM);
+                used = widened(used, FULL_ROOM / 32, FULL_ROOM / 32);
+                before = widened(before, FULL_ROOM / 32, FULL_ROOM / 32);
+            }
+        }
+
+        void beginMarking() {
+            Arrays.fill(used, 0);
+            used[0] = (1 << EMPTIES) - 1;
+        }
+
+        void markRow(int[] row, int n) {
+            for (int i = 0; i < n; i++) {
+                if (row[i] >= EMPTIES) {
+                    markCell(row[i]);
+                }
+            }
+        }
+
+        /** It goes as deep as values are high. */
+        private void markCell(int h) {
+            if ((used[h >> 5] >>> (h & 31) & 1) != 0) {
+                return;
+            }
+            int kind = mem[h] & 7;
+            int length = mem[h] >>> 4 & 4095;
+            int last = h + (kind == KIND_STRING ? (length + 3) >> 2 : length);
+            for (int i = h; i <= last; i++) {
+                used[i >> 5] |= 1 << (i & 31);
+            }
+            for (int i = h + 1; i <= last && kind >= KIND_TUPLE; i++) {
+                if (mem[i] >= EMPTIES) {
+                    markCell(mem[i]);
+                }
+            }
+        }
+
+        void endMarking() {
+            int count = 0;
+            for (int i = 0; i < used.length; i++) {
+                before[i] = count;
+                count = count + Integer.bitCount(used[i]);
+            }
+        }
+
+        private int placeOf(int h) {
+            return before[h >> 5] + Integer.bitCount(used[h >> 5] & ((1 << (h & 31)) - 1));
+        }
+
+        /** What is marked will be at other places. */
         void moveRow(int[] row, int n) {
             for (int i = 0; i < n; i++) {
                 if (row[i] >= EMPTIES) {
-                    row[i] = movedCell(row[i]);
+                    row[i] = placeOf(row[i]);
                 }
             }
         }
 
-        private int movedCell(int h) {
-            int header = mem[h];
-            if (header < 0) {
-                return header & 0x7fffffff;
-            }
-            int at = moved;
-            int length = header >>> 4 & 4095;
-            int words = 1 + ((header & 7) == KIND_STRING ? (length + 3) >> 2 : length);
-            System.arraycopy(mem, h, spare, at, words);
-            moved = at + words;
-            mem[h] = 0x80000000 | at;
-            return at;
-        }
-
-        void endMoving() {
-            for (int at = EMPTIES; at < moved; at = at + 1 + wordsBehind(spare[at])) {
-                int header = spare[at];
-                int n = (header & 7) >= KIND_TUPLE ? wordsBehind(header) : 0;
-                for (int i = at + 1; i <= at + n; i++) {
-                    if (spare[i] >= EMPTIES) {
-                        spare[i] = movedCell(spare[i]);
+        void moveCells() {
+            int to = EMPTIES;
+            int words = 0;
+            for (int at = EMPTIES; at < top; at = at + words) {
+                int header = mem[at];
+                words = 1 + wordsBehind(header);
+                if ((used[at >> 5] >>> (at & 31) & 1) != 0) {
+                    for (int i = at + 1; i < at + words && (header & 7) >= KIND_TUPLE; i++) {
+                        mem[i] = mem[i] >= EMPTIES ? placeOf(mem[i]) : mem[i];
                     }
+                    System.arraycopy(mem, at, mem, to, words);
+                    to = to + words;
                 }
             }
-            int[] left = mem;
-            mem = spare;
-            spare = left;
-            top = moved;
-            if (top > mem.length / 2 && mem.length < MOST_ROOM) {
-                mem = Arrays.copyOf(mem, mem.length * 2);
-            }
+            top = to;
         }
     }
 
@@ -832,11 +867,13 @@ public final class SetHouse {
         }
     }
 
-    /** Values as printed. The longest one has 9992 bytes (999 atoms of seven digits in a row). */
+    /** Values as printed. The longest one has 9992 bytes (999 atoms of seven digits in a row), digits want more room. */
     private static final class Printer {
+        private static final int MOST_TEXT = 10400;
+
         private final Heap heap;
         private final Wholes wholes;
-        private final byte[] text = new byte[16384];
+        private final byte[] text = new byte[MOST_TEXT];
         private int length;
 
         Printer(Heap heap, Wholes wholes) {
@@ -937,7 +974,7 @@ public final class SetHouse {
         private final Printer printer;
         private final byte[] bytes = new byte[8192];
         // Members on their way into a new value: never more than those of two values and a few.
-        private final int[] row = new int[4096];
+        private final int[] row = new int[2048];
         private final int[] few = new int[8];
 
         Algebra(Heap heap, Wholes wholes, Printer printer) {
@@ -1679,6 +1716,8 @@ public final class SetHouse {
         static final int PICK = 38;
         static final int SWAP = 39;
         static final int GIVE = 40;
+        static final int LOAD_PASSING = 41;
+        static final int OPEN = 42;
         // What is made of what is upon the stack.
         static final int MAKE_SET = 48;
         static final int MAKE_TUPLE = 49;
@@ -1699,12 +1738,14 @@ public final class SetHouse {
         static final int FOR_NAME = 71;
         static final int FOR_NAMES = 72;
         static final int FOR_CLEAR = 73;
-        // What formers gather.
+        // What formers gather, and long rows.
         static final int GATHER = 80;
         static final int GATHER_SET = 81;
         static final int GATHER_TUPLE = 82;
         static final int GATHERED_SET = 83;
         static final int GATHERED_TUPLE = 84;
+        static final int JOIN_SET = 85;
+        static final int JOIN_TUPLE = 86;
         // Parts and targets.
         static final int PART_ONE = 96;
         static final int PART_ROW = 97;
@@ -1856,7 +1897,7 @@ public final class SetHouse {
             2, 2, 2, 2, 2, 2, 2, 2, 2, 2, 2, 12, 19, 13, 0, 0
         };
 
-        private byte[] tape = new byte[512];
+        private byte[] tape = new byte[1024];
         private int length;
         private int kind;
         private int start;
@@ -1883,16 +1924,21 @@ public final class SetHouse {
 
         /** The number's four bytes, the highest first. */
         void append(int number) {
-            tape = grownBytes(tape, length + 4);
+            widen(length + 4);
             for (int shift = 24; shift >= 0; shift = shift - 8) {
                 tape[length] = (byte) (number >> shift);
                 length++;
             }
         }
 
+        /** No more than 512 calls can bring, or all that a tape may have. */
+        private void widen(int needed) {
+            tape = widenedBytes(tape, needed, needed <= MOST_FED + 2 ? MOST_FED + 2 : MOST_TAPE + 2);
+        }
+
         /** Two bytes that are none of any token stand behind the tape while it is read. */
         void rewind() {
-            tape = grownBytes(tape, length + 2);
+            widen(length + 2);
             tape[length] = 0;
             tape[length + 1] = 0;
             end = 0;
@@ -1959,13 +2005,18 @@ public final class SetHouse {
         static final int VARIABLE = 0;
         static final int FUNC = 1;
         static final int PROC = 2;
+        // A variable of an exp's iter: it lies apart from the others, as it is gone when the exp is worked.
+        static final int PASSING = 3;
         static final int READ_ONLY = 0;
         static final int WRITE_ONLY = 1;
         // The unit of a view or an exp that is asked, behind those of funcs and procs.
         static final int VIEW_UNIT = MOST_UNITS + 1;
         private static final int NAMES = 256;
+        // No statement makes four ints of a byte; most that do come near it are calls with eight params of wr.
+        private static final int FULL_CODE = 36 * MOST_FED / 10;
 
-        private int[] code = new int[512];
+        // The row of the program that is, in which the next one is read behind it.
+        private int[] code = new int[1024];
         private int size;
         private int entry;
         private int statements;
@@ -1985,16 +2036,31 @@ public final class SetHouse {
         private final int[] modes = new int[MOST_UNITS + 2];
         private final int[] variables = new int[MOST_UNITS + 2];
         private final int[] counted = new int[MOST_UNITS + 2];
+        // Slots of a call: params and vars; while its text is read those of the fors around, too.
         private final int[] frames = new int[MOST_UNITS + 2];
+        // Slots of the iters around in the exp that is read.
+        private int passing;
 
-        void empty() {
-            size = 0;
-            entry = 0;
+        /** Nothing yet, behind another one's code. */
+        void emptyBehind(Program other) {
+            code = other.code;
+            size = other.size;
+            entry = other.size;
             statements = 0;
             procs = 0;
             names = 0;
             units = 0;
             openUnit(0);
+        }
+
+        /** The other one's code is not needed any more. Jumps tell how far it is, so that they stay as they are. */
+        void moveDown(int far) {
+            size = size - far;
+            entry = entry - far;
+            System.arraycopy(code, far, code, 0, size);
+            for (int unit = 0; unit <= units; unit++) {
+                entries[unit] = entries[unit] - far;
+            }
         }
 
         void openUnit(int unit) {
@@ -2004,26 +2070,37 @@ public final class SetHouse {
             variables[unit] = 0;
             counted[unit] = 0;
             frames[unit] = 0;
+            passing = 0;
         }
 
         int emit(int op, int number) {
-            code = grown(code, size + 1);
+            widen(1);
             code[size] = op | number << 8;
             size++;
             return size - 1;
         }
 
         int word(int word) {
-            code = grown(code, size + 1);
+            widen(1);
             code[size] = word;
             size++;
             return size - 1;
         }
 
         void words(int[] from, int start, int n) {
-            code = grown(code, size + n);
+            widen(n);
             System.arraycopy(from, start, code, size, n);
             size = size + n;
+        }
+
+        /** Once at most; texts of more bytes than 512 calls can feed may be refused here. */
+        private void widen(int n) {
+            if (size + n > code.length && code.length < FULL_CODE) {
+                code = Arrays.copyOf(code, FULL_CODE);
+            }
+            if (size + n > code.length) {
+                throw new IllegalArgumentException();
+            }
         }
 
         void aim(int jump, int to) {
@@ -2068,6 +2145,11 @@ public final class SetHouse {
             frames[unit] = frames[unit] + n;
             return frames[unit] - n;
         }
+
+        int newPassing(int n) {
+            passing = passing + n;
+            return passing - n;
+        }
     }
 
     /**
@@ -2091,6 +2173,10 @@ public final class SetHouse {
         private static final int POSTPONED = 3;
         // A target among the marks: its name's slot and unit, how many values and parts, the parts' kinds.
         private static final int TARGET_HEAD = 4;
+        // Two marks a byte, of holes; besides these a few for each of those that are open.
+        private static final int FULL_MARKS = 2 * MOST_FED + 1024;
+        // No exp makes more than three ints of two bytes.
+        private static final int FULL_LATER = 3 * MOST_FED / 2 + 1024;
 
         private final Lexer lex;
         private final Wholes wholes;
@@ -2123,7 +2209,6 @@ public final class SetHouse {
         }
 
         boolean readProgram(Program into) {
-            into.empty();
             begin(into, 0, ALL);
             try {
                 lex.advance();
@@ -2226,10 +2311,19 @@ public final class SetHouse {
         }
 
         private int mark(int n) {
-            marks = grown(marks, marked + 1);
+            widenMarks(1);
             marks[marked] = n;
             marked++;
             return marked - 1;
+        }
+
+        private void widenMarks(int n) {
+            if (marked + n > marks.length && marks.length < FULL_MARKS) {
+                marks = Arrays.copyOf(marks, FULL_MARKS);
+            }
+            if (marked + n > marks.length) {
+                throw new IllegalArgumentException();
+            }
         }
 
         // ------------------------------------------------ programs
@@ -2543,8 +2637,12 @@ public final class SetHouse {
         private void forStatement() {
             int names = p.names;
             int marksBefore = marked;
+            int slots = p.frames[unit];
             opens();
+            int opened = p.emit(Op.OPEN, 0);
             iters(true);
+            int more = p.frames[unit] - slots;
+            p.code[opened] = Op.OPEN | more << 8;
             int first = rowFirst;
             int last = rowLast;
             if (lex.kind == Lexer.BAR) {
@@ -2560,7 +2658,9 @@ public final class SetHouse {
                 p.word(marks[at + 1]);
                 p.word(marks[at + 2]);
             }
+            p.emit(Op.DROP, more);
             marked = marksBefore;
+            p.frames[unit] = slots;
             p.names = names;
         }
 
@@ -2740,7 +2840,10 @@ public final class SetHouse {
         // ------------------------------------------------ calls
 
         private void keep(int[] from, int start, int n) {
-            later = grown(later, kept + n);
+            later = widened(later, kept + n, FULL_LATER);
+            if (kept + n > later.length) {
+                throw new IllegalArgumentException();
+            }
             System.arraycopy(from, start, later, kept, n);
             kept = kept + n;
         }
@@ -2935,7 +3038,7 @@ public final class SetHouse {
         }
 
         private void postpone(int level, int op, int more) {
-            marks = grown(marks, marked + POSTPONED);
+            widenMarks(POSTPONED);
             marks[marked] = level;
             marks[marked + 1] = op;
             marks[marked + 2] = more;
@@ -3079,7 +3182,8 @@ public final class SetHouse {
                 functionCall(p.slot[name]);
                 return NONE;
             }
-            p.emit(p.owner[name] == unit ? Op.LOAD : Op.LOAD_GLOBAL, p.slot[name]);
+            int local = what == Program.PASSING ? Op.LOAD_PASSING : Op.LOAD;
+            p.emit(p.owner[name] == unit ? local : Op.LOAD_GLOBAL, p.slot[name]);
             return name;
         }
 
@@ -3094,7 +3198,7 @@ public final class SetHouse {
             }
             closes(Lexer.ROUND_END);
             p.emit(Op.CALL_FUNC, func);
-            p.word(depth);
+            p.word(depth | p.passing << 8);
         }
 
         private void number() {
@@ -3153,12 +3257,19 @@ public final class SetHouse {
             closes(close);
         }
 
+        /** Behind as many as a value can have at the most they are gathered, so that no more lie upon the stack. */
         private void members(int tuple) {
             int n = 1;
             for (int i = 0; i <= MOST_TAPE && lex.kind == Lexer.COMMA; i++) {
                 lex.advance();
+                if (n == MOST_SIZE) {
+                    p.emit(Op.JOIN_SET + tuple, n);
+                }
                 exp(0);
                 n++;
+                if (n > MOST_SIZE) {
+                    p.emit(Op.GATHER_SET + tuple, 1);
+                }
                 if (n == 2 && lex.kind == Lexer.DOTS) {
                     lex.advance();
                     exp(0);
@@ -3166,13 +3277,13 @@ public final class SetHouse {
                     return;
                 }
             }
-            p.emit(Op.MAKE_SET + tuple, n);
+            p.emit(n > MOST_SIZE ? Op.GATHERED_SET + tuple : Op.MAKE_SET + tuple, n);
         }
 
         private void former(int tuple) {
             lex.advance();
             int names = p.names;
-            int slots = p.frames[unit];
+            int slots = p.passing;
             p.emit(Op.GATHER, 0);
             iters(false);
             int first = rowFirst;
@@ -3194,14 +3305,15 @@ public final class SetHouse {
 
         private void clear(int slots) {
             p.emit(Op.CLEAR, slots);
-            p.word(p.frames[unit] - slots);
+            p.word(p.passing - slots);
+            p.passing = slots;
         }
 
         private void quantifier() {
             boolean exists = lex.kind == Lexer.EXISTS;
             opens();
             int names = p.names;
-            int slots = p.frames[unit];
+            int slots = p.passing;
             iters(false);
             int first = rowFirst;
             int last = rowLast;
@@ -3284,13 +3396,13 @@ public final class SetHouse {
             boolean more = true;
             for (int i = 0; i <= MOST_TAPE && more; i++) {
                 int names = p.names;
-                int name = p.frames[unit];
+                int name = counted ? p.frames[unit] : p.passing;
                 boolean several = lex.kind == Lexer.SQUARE;
                 iterNames(row, several, counted);
                 int count = p.names - names;
                 expect(Lexer.IN);
                 exp(LEVEL_SUM);
-                int slot = p.newSlots(unit, 2);
+                int slot = counted ? p.newSlots(unit, 2) : p.newPassing(2);
                 p.emit(counted ? Op.FOR_ITER : Op.ITER, slot);
                 int next = p.emit(counted ? Op.FOR_NEXT : Op.NEXT, slot);
                 p.word(last - next);
@@ -3332,7 +3444,8 @@ public final class SetHouse {
             for (int i = 0; i <= MOST_VARIABLES && more; i++) {
                 checkName(row);
                 p.counted[unit] += counted ? 1 : 0;
-                p.tell(lex.high, lex.low, Program.VARIABLE, unit, p.newSlots(unit, 1));
+                int slot = counted ? p.newSlots(unit, 1) : p.newPassing(1);
+                p.tell(lex.high, lex.low, counted ? Program.VARIABLE : Program.PASSING, unit, slot);
                 p.hidden[p.names - 1] = true;
                 lex.advance();
                 more = several && lex.kind == Lexer.COMMA;
@@ -3369,10 +3482,6 @@ public final class SetHouse {
         private int printed;
         private long seed;
 
-        int weight() {
-            return sp + pointTop + total + pointTotal;
-        }
-
         void copyFrom(Run other) {
             pc = other.pc;
             fp = other.fp;
@@ -3397,19 +3506,23 @@ public final class SetHouse {
     /**
      * A run as it stood before some of its statements, so that going back need not do all again: up to
      * eight at like distances (wider ones as it goes on), and one near the place where a call was to end.
+     * They share one row, and none is kept that it has no room for.
      */
     private static final class Saves {
         private static final int MOST = 8;
         private static final int NEAR = MOST;
         private static final int FIRST_GAP = 256;
         private static final int NEARNESS = 32;
-        // All that the eight keep from being left behind when cells move.
-        private static final int MOST_WEIGHT = 100000;
+        // All that the eight keep in the heap.
+        private static final int MOST_WEIGHT = 60000;
+        private static final int FULL_ROW = 20000;
 
         private final Run[] runs = new Run[MOST + 1];
-        // Of each one its stack, then its points.
-        private final int[][] rows = new int[MOST + 1][16];
-        private final int[] weights = new int[MOST + 1];
+        // Of each one its stack, then its points; the near one behind the others.
+        private int[] row = new int[1024];
+        private final int[] starts = new int[MOST + 1];
+        // How much of the row the eight have.
+        private int filled;
         private int saved;
         private boolean near;
         // Never less than the first one.
@@ -3424,11 +3537,17 @@ public final class SetHouse {
         }
 
         void empty() {
-            saved = 0;
-            near = false;
+            drop();
             gap = FIRST_GAP;
             nextAt = gap;
             nearAt = NONE;
+        }
+
+        /** Where room is scarce it can do without them. */
+        void drop() {
+            filled = 0;
+            saved = 0;
+            near = false;
         }
 
         /** So many statements are to be done. */
@@ -3447,65 +3566,65 @@ public final class SetHouse {
             return at;
         }
 
-        /** A place among the eight for a run as it is, or NONE. */
-        int placeFor(Run run) {
-            int weight = run.weight();
-            for (int i = 0; i < 30 && (saved == MOST || weightWith(weight) > MOST_WEIGHT) && saved > 0; i++) {
+        private boolean isRoomFor(Run run) {
+            int weight = run.total + run.pointTotal;
+            for (int i = 0; i < saved; i++) {
+                weight = weight + runs[i].total + runs[i].pointTotal;
+            }
+            return filled + run.sp + run.pointTop <= FULL_ROW && weight <= MOST_WEIGHT;
+        }
+
+        /** One more of the eight, where the near one was. */
+        void add(Run run, int[] stack, int[] points) {
+            near = false;
+            for (int i = 0; i < 30 && saved > 0 && (saved == MOST || !isRoomFor(run)); i++) {
                 thinOut();
             }
             int wide = Math.max(gap, FIRST_GAP);
             nextAt = (run.begun / wide + 1) * wide;
-            if (run.begun % wide != 0 || weightWith(weight) > MOST_WEIGHT) {
-                return NONE;
+            if (run.begun % wide == 0 && isRoomFor(run)) {
+                store(saved, run, stack, points);
+                filled = filled + run.sp + run.pointTop;
+                saved++;
             }
-            weights[saved] = weight;
-            saved++;
-            return saved - 1;
         }
 
-        private int weightWith(int one) {
-            int weight = one;
-            for (int i = 0; i < saved; i++) {
-                weight = weight + weights[i];
+        void addNear(Run run, int[] stack, int[] points) {
+            near = filled + run.sp + run.pointTop <= FULL_ROW;
+            if (near) {
+                store(NEAR, run, stack, points);
             }
-            return weight;
+        }
+
+        private void store(int at, Run run, int[] stack, int[] points) {
+            row = widened(row, filled + run.sp + run.pointTop, FULL_ROW);
+            starts[at] = filled;
+            runs[at].copyFrom(run);
+            System.arraycopy(stack, 0, row, filled, run.sp);
+            System.arraycopy(points, 0, row, filled + run.sp, run.pointTop);
         }
 
         private void thinOut() {
-            int n = 0;
-            int wide = 2 * Math.max(gap, FIRST_GAP);
-            gap = wide;
-            for (int i = 0; i < saved; i++) {
-                if (runs[i].begun % wide == 0) {
-                    Run run = runs[i];
-                    int[] row = rows[i];
-                    runs[i] = runs[n];
-                    rows[i] = rows[n];
-                    runs[n] = run;
-                    rows[n] = row;
-                    weights[n] = weights[i];
-                    n++;
+            int before = saved;
+            gap = 2 * Math.max(gap, FIRST_GAP);
+            filled = 0;
+            saved = 0;
+            for (int i = 0; i < before; i++) {
+                Run run = runs[i];
+                if (run.begun % Math.max(gap, FIRST_GAP) == 0) {
+                    System.arraycopy(row, starts[i], row, filled, run.sp + run.pointTop);
+                    runs[i] = runs[saved];
+                    runs[saved] = run;
+                    starts[saved] = filled;
+                    filled = filled + run.sp + run.pointTop;
+                    saved++;
                 }
             }
-            saved = n;
         }
 
-        void store(int at, Run run, int[] stack, int[] points) {
-            int all = run.sp + run.pointTop;
-            runs[at].copyFrom(run);
-            near = near || at == NEAR;
-            rows[at] = grown(rows[at], all);
-            System.arraycopy(stack, 0, rows[at], 0, run.sp);
-            System.arraycopy(points, 0, rows[at], run.sp, run.pointTop);
-        }
-
-        void move(Heap heap) {
-            for (int i = 0; i < saved; i++) {
-                heap.moveRow(rows[i], runs[i].sp + runs[i].pointTop);
-            }
-            if (near) {
-                heap.moveRow(rows[NEAR], runs[NEAR].sp + runs[NEAR].pointTop);
-            }
+        /** How much of the row is in use. */
+        int used() {
+            return near ? filled + runs[NEAR].sp + runs[NEAR].pointTop : filled;
         }
     }
 
@@ -3517,6 +3636,12 @@ public final class SetHouse {
     private static final class Machine {
         private static final int HEAD = 4;
         private static final int POINT_TAIL = 6;
+        // Frames of the program and of open calls (each variable may be a for's, with two slots more), those
+        // of funcs, and what is being worked: funcs open 60 of the kinds that are counted at the most, twenty
+        // of these for themselves; each of the others may be a row of a thousand, if the text goes so far.
+        private static final int FULL_STACK = 91000;
+        // Points' variables and what their fors go over are in TOTAL, and each slot is one of it at least.
+        private static final int FULL_POINTS = MOST_TOTAL + MOST_POINTS * (HEAD * (MOST_CALLS + 1) + POINT_TAIL);
         private static final long FOREVER = 1L << 62;
         private static final long SEED_FACTOR = 6364136223846793005L;
         private static final long SEED_STEP = 1442695040888963407L;
@@ -3529,9 +3654,12 @@ public final class SetHouse {
         private final int[] kept;
         private final Run run = new Run();
         private Program program;
-        private int[] stack = new int[512];
-        private int[] points = new int[64];
-        private byte[] output = new byte[256];
+        private int[] stack = new int[1024];
+        private int[] points = new int[512];
+        private byte[] output = new byte[1024];
+        // Slots of the exp's iters, then those of open funcs' exps; none is in use between statements.
+        private final int[] passing = new int[(MOST_FUNCS + 1) * MOST_PASSING];
+        private int passingBase;
         private boolean halted;
         private int trouble;
         private int left;
@@ -3587,26 +3715,15 @@ public final class SetHouse {
             }
             left = statements;
             saves.expect(run.begun, statements);
-            trouble = 0;
-            funcs = 0;
-            depths = 0;
             execute();
             if (trouble != 0) {
+                Arrays.fill(passing, OM);
                 run.error = trouble;
                 run.ended = 2;
-                dropWorked();
+                // Behind an error only the program's variables can be asked for.
+                run.fp = 0;
+                run.sp = HEAD + program.frames[0];
             }
-        }
-
-        /** Behind an error only the frames of the program and of open calls are left. */
-        private void dropWorked() {
-            for (int i = 0; i < funcs; i++) {
-                run.fp = unraw(stack[run.fp + 1]);
-            }
-            funcs = 0;
-            depths = 0;
-            int unit = unraw(stack[run.fp + 2]);
-            run.sp = run.fp + HEAD + program.frames[unit];
         }
 
         /** The run is as it was at a statement from which it may go on to this one: how many are between. */
@@ -3617,15 +3734,13 @@ public final class SetHouse {
                 return begun;
             }
             run.copyFrom(saves.runs[at]);
-            stack = grown(stack, run.sp);
-            points = grown(points, run.pointTop);
-            System.arraycopy(saves.rows[at], 0, stack, 0, run.sp);
-            System.arraycopy(saves.rows[at], run.sp, points, 0, run.pointTop);
+            System.arraycopy(saves.row, saves.starts[at], stack, 0, run.sp);
+            System.arraycopy(saves.row, saves.starts[at] + run.sp, points, 0, run.pointTop);
             return begun - run.begun;
         }
 
         /** An exp's value, or its error as a raw number; workDone is its WORK. */
-        int evaluate(int entry, int frame) {
+        int evaluate(int entry) {
             int pc = run.pc;
             int fp = run.fp;
             int sp = run.sp;
@@ -3634,13 +3749,13 @@ public final class SetHouse {
             run.fp = sp;
             run.pc = entry;
             run.work = 0;
-            trouble = 0;
-            funcs = 0;
-            depths = 0;
             pushAll(RAW_TAG, HEAD);
-            pushAll(OM, frame);
             execute();
-            int answer = trouble != 0 ? raw(trouble) : stack[run.sp - 1];
+            int answer = stack[run.sp - 1];
+            if (trouble != 0) {
+                Arrays.fill(passing, OM);
+                answer = raw(trouble);
+            }
             workDone = run.work;
             run.pc = pc;
             run.fp = fp;
@@ -3655,20 +3770,41 @@ public final class SetHouse {
         }
 
         void makeRoom() {
-            if (heap.isTight()) {
-                heap.beginMoving();
-                heap.moveRow(stack, run.sp);
-                heap.moveRow(points, run.pointTop);
-                heap.moveRow(kept, kept.length);
-                saves.move(heap);
-                heap.endMoving();
+            if (!heap.isTight()) {
+                return;
             }
+            moveAll();
+            heap.widen();
+            if (heap.isScarce() && saves.used() > 0) {
+                saves.drop();
+                moveAll();
+            }
+        }
+
+        private void moveAll() {
+            heap.beginMarking();
+            heap.markRow(stack, run.sp);
+            heap.markRow(passing, passing.length);
+            heap.markRow(points, run.pointTop);
+            heap.markRow(kept, kept.length);
+            heap.markRow(saves.row, saves.used());
+            heap.endMarking();
+            heap.moveRow(stack, run.sp);
+            heap.moveRow(passing, passing.length);
+            heap.moveRow(points, run.pointTop);
+            heap.moveRow(kept, kept.length);
+            heap.moveRow(saves.row, saves.used());
+            heap.moveCells();
         }
 
         // ------------------------------------------------ the instructions
 
         private void execute() {
             halted = false;
+            trouble = 0;
+            funcs = 0;
+            depths = 0;
+            passingBase = 0;
             int[] code = program.code;
             for (long turn = 0; turn < FOREVER && !halted; turn++) {
                 if (heap.isTight()) {
@@ -3698,7 +3834,7 @@ public final class SetHouse {
                         iterate(op, number, at);
                         break;
                     case 5:
-                        gather(op);
+                        gather(op, number);
                         break;
                     case 6:
                         partly(op, number, at);
@@ -3740,19 +3876,30 @@ public final class SetHouse {
         }
 
         private void push(int h) {
-            if (run.sp >= stack.length) {
-                stack = grown(stack, run.sp + 1);
+            if (run.sp < stack.length || isRoomFor(1)) {
+                stack[run.sp] = h;
+                run.sp++;
             }
-            stack[run.sp] = h;
-            run.sp++;
         }
 
         private void pushAll(int h, int n) {
-            stack = grown(stack, run.sp + n);
-            for (int i = 0; i < n; i++) {
-                stack[run.sp + i] = h;
+            if (isRoomFor(n)) {
+                for (int i = 0; i < n; i++) {
+                    stack[run.sp + i] = h;
+                }
+                run.sp = run.sp + n;
             }
-            run.sp = run.sp + n;
+        }
+
+        /** It always is when the stack has its full length. */
+        private boolean isRoomFor(int n) {
+            stack = widened(stack, run.sp + n, FULL_STACK);
+            if (run.sp + n > stack.length) {
+                trouble = 6;
+                halted = true;
+                return false;
+            }
+            return true;
         }
 
         private int pop() {
@@ -3786,6 +3933,9 @@ public final class SetHouse {
         private void flow(int op, int number, int at) {
             switch (op) {
                 case Op.BEGIN:
+                    if (left > 0 && (run.begun == saves.nearAt || run.begun == saves.nextAt)) {
+                        save(at);
+                    }
                     beginStatement(number, at);
                     break;
                 case Op.END:
@@ -3842,9 +3992,6 @@ public final class SetHouse {
                 halted = true;
                 return;
             }
-            if (run.begun == saves.nearAt || run.begun == saves.nextAt) {
-                save(at);
-            }
             left--;
             run.begun++;
             run.place = place;
@@ -3854,14 +4001,11 @@ public final class SetHouse {
         private void save(int at) {
             int pc = run.pc;
             run.pc = at;
-            if (run.begun == saves.nearAt) {
-                saves.store(Saves.NEAR, run, stack, points);
-            }
             if (run.begun == saves.nextAt) {
-                int place = saves.placeFor(run);
-                if (place != NONE) {
-                    saves.store(place, run, stack, points);
-                }
+                saves.add(run, stack, points);
+            }
+            if (run.begun == saves.nearAt) {
+                saves.addNear(run, stack, points);
             }
             run.pc = pc;
         }
@@ -3901,14 +4045,16 @@ public final class SetHouse {
         // ------------------------------------------------ calls and points
 
         private void callFunc(int func) {
-            int depth = program.code[run.pc];
+            int depth = program.code[run.pc] & 255;
+            int passed = program.code[run.pc] >> 8;
             if (funcs >= MOST_FUNCS || depths + depth > MOST_DEPTHS) {
                 fail(7);
                 return;
             }
             funcs++;
             depths = depths + depth;
-            enter(func, run.pc + 1, depth, 0);
+            passingBase = passingBase + passed;
+            enter(func, run.pc + 1, depth, passed);
         }
 
         /** The frame whose head and params are upon the stack becomes the one in use. */
@@ -3928,6 +4074,7 @@ public final class SetHouse {
             int frame = run.fp;
             funcs--;
             depths = depths - unraw(stack[frame + 2]);
+            passingBase = passingBase - unraw(stack[frame + 3]);
             run.pc = unraw(stack[frame]);
             run.fp = unraw(stack[frame + 1]);
             run.sp = frame;
@@ -3977,7 +4124,11 @@ public final class SetHouse {
                 return;
             }
             int top = run.pointTop;
-            points = grown(points, top + run.sp + POINT_TAIL);
+            points = widened(points, top + run.sp + POINT_TAIL, FULL_POINTS);
+            if (top + run.sp + POINT_TAIL > points.length) {
+                fail(6);
+                return;
+            }
             System.arraycopy(stack, 0, points, top, run.sp);
             top = top + run.sp;
             points[top] = raw(run.pc);
@@ -4029,7 +4180,7 @@ public final class SetHouse {
         private void putOut() {
             int n = Math.min(printer.length, MOST_KEPT - run.printed);
             if (n > 0) {
-                output = grownBytes(output, run.printed + n);
+                output = widenedBytes(output, run.printed + n, MOST_KEPT);
                 System.arraycopy(printer.text, 0, output, run.printed, n);
             }
             run.printed = Math.min(run.printed + printer.length, MOST_COUNTED);
@@ -4063,6 +4214,12 @@ public final class SetHouse {
                 case Op.PICK:
                     push(stack[run.sp - 1 - number]);
                     break;
+                case Op.LOAD_PASSING:
+                    push(passing[passingBase + number]);
+                    break;
+                case Op.OPEN:
+                    pushAll(OM, number);
+                    break;
                 case Op.SWAP:
                     int h = stack[run.sp - 1];
                     stack[run.sp - 1] = stack[run.sp - 2];
@@ -4092,7 +4249,10 @@ public final class SetHouse {
                 case Op.STEPS_SET:
                 case Op.STEPS_TUPLE:
                     run.sp = run.sp - 2;
-                    replace(steps(op == Op.STEPS_SET));
+                    int second = stack[run.sp];
+                    // om stands for none where it is asked for a row with two ends.
+                    replace(second == OM ? ERROR_KIND
+                            : algebra.progression(stack[run.sp - 1], second, stack[run.sp + 1], op == Op.STEPS_SET));
                     break;
                 case Op.NEW_ATOM:
                     newAtom();
@@ -4101,12 +4261,6 @@ public final class SetHouse {
                     replace(drawn(stack[run.sp - 1]));
                     break;
             }
-        }
-
-        private int steps(boolean set) {
-            int second = stack[run.sp];
-            // om stands for none where it is asked for a row with two ends.
-            return second == OM ? ERROR_KIND : algebra.progression(stack[run.sp - 1], second, stack[run.sp + 1], set);
         }
 
         private void fold() {
@@ -4184,30 +4338,32 @@ public final class SetHouse {
         // ------------------------------------------------ iters
 
         private void iterate(int op, int number, int at) {
-            int slot = run.fp + HEAD + number;
+            boolean counted = op >= Op.FOR_ITER;
+            int[] in = counted ? stack : passing;
+            int slot = (counted ? run.fp + HEAD : passingBase) + number;
             switch (op) {
                 case Op.ITER:
                 case Op.FOR_ITER:
-                    goOver(slot, op == Op.FOR_ITER);
+                    goOver(in, slot, counted);
                     break;
                 case Op.NEXT:
                 case Op.FOR_NEXT:
-                    nextMember(slot, at, op == Op.FOR_NEXT);
+                    nextMember(in, slot, at, counted);
                     break;
                 case Op.NAME:
-                    stack[slot] = pop();
+                    in[slot] = pop();
                     break;
                 case Op.FOR_NAME:
                     assign(slot, pop(), true);
                     break;
                 case Op.NAMES:
                 case Op.FOR_NAMES:
-                    spread(slot, program.code[at + 1], op == Op.FOR_NAMES);
+                    spread(in, slot, program.code[at + 1], counted);
                     run.pc = at + 2;
                     break;
                 case Op.CLEAR:
                     for (int i = program.code[at + 1]; i > 0; i--) {
-                        stack[slot + i - 1] = OM;
+                        in[slot + i - 1] = OM;
                     }
                     run.pc = at + 2;
                     break;
@@ -4218,7 +4374,7 @@ public final class SetHouse {
             }
         }
 
-        private void goOver(int slot, boolean counted) {
+        private void goOver(int[] in, int slot, boolean counted) {
             int row = pop();
             if (heap.kind(row) < KIND_STRING) {
                 fail(1);
@@ -4233,35 +4389,35 @@ public final class SetHouse {
                 run.total = run.total + size;
                 run.local = run.local + size;
             }
-            stack[slot] = row;
-            stack[slot + 1] = raw(0);
+            in[slot] = row;
+            in[slot + 1] = raw(0);
         }
 
-        private void nextMember(int slot, int at, boolean counted) {
-            int row = stack[slot];
-            int next = unraw(stack[slot + 1]);
+        private void nextMember(int[] in, int slot, int at, boolean counted) {
+            int row = in[slot];
+            int next = unraw(in[slot + 1]);
             if (next >= heap.length(row)) {
-                letGo(slot, counted);
+                letGo(in, slot, counted);
                 run.pc = at + program.code[at + 1];
                 return;
             }
-            stack[slot + 1] = raw(next + 1);
+            in[slot + 1] = raw(next + 1);
             push(heap.taken(row, next));
             run.pc = at + 2;
             spend(1);
         }
 
-        private void letGo(int slot, boolean counted) {
-            if (counted && stack[slot] != OM) {
-                int size = heap.size(stack[slot]);
+        private void letGo(int[] in, int slot, boolean counted) {
+            if (counted && in[slot] != OM) {
+                int size = heap.size(in[slot]);
                 run.total = run.total - size;
                 run.local = run.local - size;
             }
-            stack[slot] = OM;
-            stack[slot + 1] = OM;
+            in[slot] = OM;
+            in[slot + 1] = OM;
         }
 
-        private void spread(int slot, int names, boolean counted) {
+        private void spread(int[] in, int slot, int names, boolean counted) {
             int row = pop();
             if (heap.kind(row) != KIND_TUPLE || heap.length(row) > names) {
                 fail(1);
@@ -4271,13 +4427,13 @@ public final class SetHouse {
                 if (counted) {
                     assign(slot + i, heap.member(row, i), true);
                 } else {
-                    stack[slot + i] = heap.member(row, i);
+                    in[slot + i] = heap.member(row, i);
                 }
             }
         }
 
         private void clearFor(int slot, int name, int names) {
-            letGo(slot, true);
+            letGo(stack, slot, true);
             for (int i = name; i < name + names; i++) {
                 assign(i, OM, true);
             }
@@ -4298,34 +4454,88 @@ public final class SetHouse {
         /**
          * A former's members lie upon the stack, above them how many they are and the size of all. A size
          * beyond all values says that there are too many: no more are kept then, and it errs at its end.
+         * A long row (number is not 0) likewise, but om among a set's members errs at its end, too.
          */
-        private void gather(int op) {
-            if (op == Op.GATHER) {
-                push(raw(0));
-                push(raw(1));
-                return;
-            }
-            int h = op == Op.GATHER_SET || op == Op.GATHER_TUPLE ? pop() : OM;
-            int n = unraw(stack[run.sp - 2]);
-            int size = unraw(stack[run.sp - 1]);
-            if (op == Op.GATHER_SET) {
-                gatherIntoSet(h, n, size);
-            } else if (op == Op.GATHER_TUPLE) {
-                gatherIntoTuple(h, n, size);
-            } else {
-                int members = run.sp - 2 - n;
-                run.sp = members;
-                give(size > 2 * MOST_SIZE ? ERROR_SIZE : op == Op.GATHERED_SET
-                        ? heap.makeRow(KIND_SET, stack, members, n) : heap.makeTuple(stack, members, n));
+        private void gather(int op, int number) {
+            switch (op) {
+                case Op.GATHER:
+                    push(raw(0));
+                    push(raw(1));
+                    break;
+                case Op.JOIN_SET:
+                    joinSet(number);
+                    break;
+                case Op.JOIN_TUPLE:
+                    joinTuple(number);
+                    break;
+                case Op.GATHER_SET:
+                    gatherIntoSet(pop(), number != 0);
+                    break;
+                case Op.GATHER_TUPLE:
+                    gatherIntoTuple(pop());
+                    break;
+                default:
+                    gathered(op == Op.GATHERED_SET);
+                    break;
             }
         }
 
-        private void gatherIntoSet(int h, int n, int size) {
-            if (h == OM) {
+        private void gathered(boolean set) {
+            int n = unraw(stack[run.sp - 2]);
+            int size = unraw(stack[run.sp - 1]);
+            int members = run.sp - 2 - n;
+            run.sp = members;
+            // om is the first of all in the order.
+            if (set && n > 0 && stack[members] == OM) {
+                fail(3);
+            } else if (size > 2 * MOST_SIZE) {
+                fail(5);
+            } else {
+                give(set ? heap.makeRow(KIND_SET, stack, members, n) : heap.makeTuple(stack, members, n));
+            }
+        }
+
+        /** The first members of a long row, which lie upon the stack by themselves, become gathered ones. */
+        private void joinSet(int members) {
+            int start = run.sp - members;
+            int n = 0;
+            int size = 1;
+            boolean om = false;
+            for (int i = start; i < start + members; i++) {
+                int h = stack[i];
+                om = om || h == OM;
+                if (size <= MOST_SIZE && algebra.insert(stack, start, n, start + n, h)) {
+                    n++;
+                    size = size + heap.size(h);
+                }
+            }
+            stack[start] = om ? OM : stack[start];
+            run.sp = start + n;
+            push(raw(n));
+            push(raw(size > MOST_SIZE ? 3 * MOST_SIZE : size));
+        }
+
+        private void joinTuple(int members) {
+            int size = 1;
+            boolean great = false;
+            for (int i = run.sp - members; i < run.sp; i++) {
+                size = size + heap.size(stack[i]);
+                great = great || (stack[i] != OM && size > MOST_SIZE);
+            }
+            push(raw(members));
+            push(raw(great ? 3 * MOST_SIZE : size));
+        }
+
+        private void gatherIntoSet(int h, boolean row) {
+            int n = unraw(stack[run.sp - 2]);
+            int size = unraw(stack[run.sp - 1]);
+            if (h == OM && !row) {
                 fail(3);
                 return;
             }
             if (size > MOST_SIZE) {
+                int first = run.sp - 2 - n;
+                stack[first] = h == OM ? h : stack[first];
                 return;
             }
             push(OM);
@@ -4338,7 +4548,9 @@ public final class SetHouse {
         }
 
         /** oms at the end are not there: only what comes behind them makes the value too great. */
-        private void gatherIntoTuple(int h, int n, int size) {
+        private void gatherIntoTuple(int h) {
+            int n = unraw(stack[run.sp - 2]);
+            int size = unraw(stack[run.sp - 1]);
             if (size > 2 * MOST_SIZE || (h == OM && n >= MOST_SIZE)) {
                 return;
             }
@@ -4469,16 +4681,15 @@ public final class SetHouse {
     private int latestFault;
     private int views;
     private final int[] viewEntries = new int[MOST_VIEWS];
-    private final int[] viewFrames = new int[MOST_VIEWS];
     private final boolean[] viewSeen = new boolean[MOST_VIEWS];
-    private byte[] shownText = new byte[64];
+    private byte[] shownText = new byte[256];
     private int shownLength;
     private int shownValues;
     private int latestWork;
 
     public SetHouse() {
         Arrays.fill(kept, OM);
-        current.empty();
+        current.emptyBehind(current);
     }
 
     public int feed(int a, int b, int c, int d, int e) throws UnsupportedOperationException {
@@ -4501,12 +4712,15 @@ public final class SetHouse {
     }
 
     public int program() {
+        other.emptyBehind(current);
         boolean read = parser.readProgram(other);
         lex.length = 0;
         latestFault = parser.faultCode;
+        current.code = other.code;
         if (!read) {
             return -1 - parser.faultPlace;
         }
+        other.moveDown(current.size);
         Program old = current;
         current = other;
         other = old;
@@ -4599,7 +4813,7 @@ public final class SetHouse {
         shownValues = Math.min(shownValues + 1, 2);
         printer.print(h);
         shownLength = printer.length;
-        shownText = grownBytes(shownText, shownLength);
+        shownText = widenedBytes(shownText, shownLength, Printer.MOST_TEXT);
         System.arraycopy(printer.text, 0, shownText, 0, shownLength);
         return shownLength;
     }
@@ -4627,7 +4841,7 @@ public final class SetHouse {
         if (!read) {
             return -100 - parser.faultPlace;
         }
-        int h = machine.evaluate(size, current.frames[Program.VIEW_UNIT]);
+        int h = machine.evaluate(size);
         current.size = size;
         latestWork = machine.workDone;
         return isError(h) ? -1 - (h & 15) : showValue(h);
@@ -4649,7 +4863,6 @@ public final class SetHouse {
         }
         int at = VIEWED + 3 * views;
         viewEntries[views] = size;
-        viewFrames[views] = current.frames[Program.VIEW_UNIT];
         viewSeen[views] = false;
         kept[at] = OM;
         kept[at + 1] = OM;
@@ -4662,7 +4875,7 @@ public final class SetHouse {
         wantRun();
         int changed = 0;
         for (int v = 0; v < views; v++) {
-            int h = machine.evaluate(viewEntries[v], viewFrames[v]);
+            int h = machine.evaluate(viewEntries[v]);
             kept[FRESH] = isError(h) ? OM : h;
             machine.makeRoom();
             changed = changed + (renew(VIEWED + 3 * v) ? 1 : 0);
