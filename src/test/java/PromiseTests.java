@@ -652,6 +652,57 @@ public final class PromiseTests {
             "[[[0]], 5]/");
     }
 
+    /** Rows of more members than a value can have: all are worked before it errs, and om at the end is not there. */
+    private static void longRows() {
+        started("var a, b; func f(n) = if n > 0 then {a, b, " + repeated("a, ", 1100) + "# f(n - 1)} else {} end; a := true; b := 7;");
+        x.step(2);
+        exps(12, "[" + repeated("om, ", 1500) + "om]", "[]",
+            "# [" + repeated("a, ", 998) + "a" + repeated(", om", 500) + "]", "999",
+            "[" + repeated("a, ", 999) + "a]", "!5",
+            "[" + repeated("a, ", 1000) + "a]", "!5",
+            "[" + repeated("a, ", 1200) + "om]", "!5",
+            "[" + repeated("om, ", 999) + "a]", "!5",
+            "[" + repeated("om, ", 1200) + "a]", "!5",
+            "[" + repeated("a, ", 1200) + "1 div 0]", "!2",
+            "[1, " + repeated("om, ", 1200) + "om]", "[1]");
+        exps(12, "{" + repeated("a, ", 1500) + "b}", "{true, 7}",
+            "{b, " + repeated("a, b, ", 700) + "1}", "{true, 1, 7}",
+            "{" + repeated("a, ", 1500) + "om}", "!3",
+            "{om, " + repeated("a, ", 1500) + "a}", "!3",
+            "{" + repeated("a, ", 999) + "om, a}", "!3",
+            "{" + repeated("a, ", 1000) + "om, a}", "!3",
+            "{" + repeated("om, ", 1500) + "1 div 0}", "!2",
+            "{" + repeated("a, ", 1500) + "[a] * 999}", "!5",
+            "{" + repeated("a, ", 1500) + "[a] * 998}", "!5",
+            "# {" + repeated("a, ", 1500) + "[a] * 997}", "2",
+            "f(3)", "{true, 3, 7}");
+        StringBuilder many = new StringBuilder();
+        for (int i = 0; i < 1100; i++) {
+            many.append(i).append(", ");
+        }
+        exps(12, "{" + many + "0}", "!5", "{" + many + "om}", "!3", "{" + many + "1 div 0}", "!2", "[" + many + "om]", "!5");
+        workCounted("{" + repeated("a, ", 1500) + "b}", 4);
+        workCounted("[" + repeated("0, ", 400) + repeated("om, ", 800) + "om]", 801);
+    }
+
+    /** Names and rows of fors go and come back with the fors around them. */
+    private static void loopsWithinLoops() {
+        prints(7, "var s; proc p(n); for i in {1..n} do for j in [i..n] do if j = 3 then quit; end; if i = j then continue; end; print(i, j); end; for k in \"ab\" do print(k, i); return; end; end; end; for a in {3..4} do p(a); for b in {a} do print(a, b); end; end;",
+            "1 2/a 1/3 3/1 2/a 1/4 4/");
+        prints(7, "var s, t; s := 0; for i in {1..3}, j in {i..3} do if ok then t := i; for k in {1..9} do if k > j then fail; end; s := s + 1; end; else s := s + 10 * i; end; print(i, j, s, t); end;",
+            "1 1 10 om/1 2 20 om/1 3 30 om/2 2 50 om/2 3 70 om/3 3 100 om/");
+        prints(7, "var s; proc p(n); for i in {1..2} do if n > 0 then for j in {5} do p(n - 1); s := s + [[n, i, j]]; end; end; end; end; s := []; p(2); print(s);",
+            "[[1, 1, 5], [1, 2, 5], [2, 1, 5], [1, 1, 5], [1, 2, 5], [2, 2, 5]]/");
+        started("var a; for i in {1..3} do for [j, k] in {[1, 2]} do a := i; end; a := om; end; for l in \"ab\" do a := l; end; a := 1;");
+        StringBuilder totals = new StringBuilder();
+        for (int i = 0; i < 14; i++) {
+            x.step(1);
+            totals.append(x.state(6)).append(' ');
+        }
+        // a, i, j, k, l; besides what the fors go over and what their names have
+        due(9, "TOTAL in fors", totals.toString(), "13 21 14 13 21 14 13 21 14 5 8 9 6 6 ");
+    }
+
     private static void views() {
         x = new SetHouse();
         throwsDue(13, "no program", "IllegalStateException", () -> x.view());
@@ -778,6 +829,8 @@ public final class PromiseTests {
         operators();
         statements();
         longTexts();
+        longRows();
+        loopsWithinLoops();
         views();
         shownBytes();
         shapes();
