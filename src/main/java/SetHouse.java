@@ -3799,12 +3799,16 @@ public final class SetHouse {
 
         // ------------------------------------------------ the instructions
 
-        private void execute() {
+        private void beginWork() {
             halted = false;
             trouble = 0;
             funcs = 0;
             depths = 0;
             passingBase = 0;
+        }
+
+        private void execute() {
+            beginWork();
             int[] code = program.code;
             for (long turn = 0; turn < FOREVER && !halted; turn++) {
                 if (heap.isTight()) {
