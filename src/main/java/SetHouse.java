@@ -2012,7 +2012,7 @@ public final class SetHouse {
         // The unit of a view or an exp that is asked, behind those of funcs and procs.
         static final int VIEW_UNIT = MOST_UNITS + 1;
         private static final int NAMES = 256;
-        // No statement makes four ints of a byte; most that do come near it are calls with eight params of wr.
+        // No text makes so many ints of a byte: calls with eight params of wr, 60 ints of 19 bytes, come next to it.
         private static final int FULL_CODE = 36 * MOST_FED / 10;
 
         // The row of the program that is, in which the next one is read behind it.
