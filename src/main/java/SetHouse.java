@@ -4173,9 +4173,17 @@ public final class SetHouse {
 
         private void print(int n) {
             for (int i = run.sp - n; i < run.sp; i++) {
-                printer.printPlain(stack[i]);
-                printer.put(i < run.sp - 1 ? ' ' : 10);
-                putOut();
+                boolean again = i > run.sp - n && stack[i] == stack[i - 1];
+                // What is counted but not kept can be far more than there is time to write.
+                if (run.printed >= MOST_KEPT && heap.kind(stack[i]) == KIND_STRING) {
+                    countOut(heap.length(stack[i]) + 1);
+                } else if (run.printed >= MOST_KEPT && again) {
+                    countOut(printer.length);
+                } else {
+                    printer.printPlain(stack[i]);
+                    printer.put(i < run.sp - 1 ? ' ' : 10);
+                    putOut();
+                }
             }
             run.sp = run.sp - n;
         }
@@ -4187,7 +4195,11 @@ public final class SetHouse {
                 output = widenedBytes(output, run.printed + n, MOST_KEPT);
                 System.arraycopy(printer.text, 0, output, run.printed, n);
             }
-            run.printed = Math.min(run.printed + printer.length, MOST_COUNTED);
+            countOut(printer.length);
+        }
+
+        private void countOut(int bytes) {
+            run.printed = Math.min(run.printed + bytes, MOST_COUNTED);
         }
 
         // ------------------------------------------------ the stack

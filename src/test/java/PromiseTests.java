@@ -1,146 +1,5 @@
-import java.nio.charset.StandardCharsets;
-
 /** Each promise of the document, with ordinary inputs, its edges and wrong inputs. */
-public final class PromiseTests {
-    private static int wrong = 0;
-    private static int checks = 0;
-
-    private static SetHouse x;
-
-    private interface Call {
-        long answer();
-    }
-
-    // ------------------------------------------------ helpers
-
-    private static void due(int promise, String what, Object got, Object want) {
-        checks++;
-        if (!String.valueOf(got).equals(String.valueOf(want))) {
-            wrong++;
-            System.out.println("promise " + promise + ": " + what + " answered " + got + ", due is " + want);
-        }
-    }
-
-    /** An answer, or the name of the exception that the call throws. */
-    private static String tried(Call call) {
-        try {
-            return String.valueOf(call.answer());
-        } catch (RuntimeException e) {
-            return e.getClass().getSimpleName();
-        }
-    }
-
-    private static void throwsDue(int promise, String what, String exception, Call call) {
-        due(promise, what, tried(call), exception);
-    }
-
-    private static void feed(String text) {
-        byte[] t = text.getBytes(StandardCharsets.ISO_8859_1);
-        int before = x.count(0);
-        for (int i = 0; i < t.length; i += 20) {
-            int[] a = new int[5];
-            for (int k = 0; k < 20; k++) {
-                a[k / 4] = a[k / 4] << 8 | (i + k < t.length ? t[i + k] & 255 : 32);
-            }
-            x.feed(a[0], a[1], a[2], a[3], a[4]);
-        }
-        x.end(before + t.length);
-    }
-
-    private static int program(String text) {
-        feed(text);
-        return x.program();
-    }
-
-    private static void fresh(String text) {
-        x = new SetHouse();
-        int statements = program(text);
-        if (statements < 0) {
-            wrong++;
-            System.out.println("fault " + x.fault() + " at " + (-1 - statements) + " of " + text);
-        }
-    }
-
-    private static void started(String text) {
-        fresh(text);
-        x.start(1);
-    }
-
-    private static void ended(String text) {
-        started(text);
-        x.step(20000);
-    }
-
-    private static String shown() {
-        StringBuilder b = new StringBuilder();
-        for (int i = 0; !tried(at(i)).equals("IndexOutOfBoundsException"); i++) {
-            b.append((char) x.shown(i));
-        }
-        return b.toString();
-    }
-
-    private static Call at(int i) {
-        return () -> x.shown(i);
-    }
-
-    private static String output() {
-        StringBuilder b = new StringBuilder();
-        for (int i = 0; i < Math.min(60000, x.state(1)); i++) {
-            b.append((char) x.out(i));
-        }
-        return b.toString();
-    }
-
-    private static int work(String exp) {
-        feed(exp);
-        return x.work();
-    }
-
-    private static String value(String name) {
-        feed(name);
-        x.value();
-        return shown();
-    }
-
-    /** What an exp is as printed; an error as !n, a fault as ?code at place. */
-    private static String worked(String exp) {
-        int n = work(exp);
-        if (n >= 0) {
-            String s = shown();
-            return s.length() == n ? s : "length " + n + " of " + s;
-        }
-        return n > -100 ? "!" + (-1 - n) : "?" + x.fault() + " at " + (-100 - n);
-    }
-
-    /** What a program prints; behind it an error as !n at its place. */
-    private static String run(String text) {
-        x = new SetHouse();
-        int n = program(text);
-        if (n < 0) {
-            return "?" + x.fault() + " at " + (-1 - n);
-        }
-        x.start(1);
-        for (int i = 0; i < 20 && x.step(20000) == 0; i++) {
-            continue;
-        }
-        String error = x.state(2) == 0 ? "" : "!" + x.state(2) + " at " + x.state(3);
-        return output().replace("\n", "/") + error;
-    }
-
-    private static void prints(int promise, String text, String want) {
-        due(promise, text.length() > 90 ? text.substring(0, 90) : text, run(text), want);
-    }
-
-    private static void exps(int promise, String... pairs) {
-        for (int i = 0; i + 1 < pairs.length; i += 2) {
-            due(promise, pairs[i], worked(pairs[i]), pairs[i + 1]);
-        }
-    }
-
-    private static String repeated(String s, int n) {
-        return s.repeat(n);
-    }
-
+public final class PromiseTests extends Checks {
     // ------------------------------------------------ promises
 
     private static void newObject() {
@@ -220,12 +79,6 @@ public final class PromiseTests {
         due(4, "notes and blanks", program("-- a note\nvar a;\t\r-- b"), 0);
     }
 
-    private static void faulty(String text, int code, int place) {
-        x = new SetHouse();
-        int answer = program(text);
-        due(5, text.length() > 90 ? text.substring(0, 90) : text, x.fault() + " at " + (-1 - answer), code + " at " + place);
-    }
-
     private static void faults() {
         x = new SetHouse();
         program("$");
@@ -259,7 +112,7 @@ public final class PromiseTests {
         faulty("func f() = newat;", 2, 11);
         faulty("func f() = random(1);", 2, 11);
         faulty("var a; a := " + repeated("(", 21) + "1", 3, 32);
-        faulty("var a; a := " + repeated("(", 20) + "1" + repeated(")", 20) + ";", 0, -2);
+        accepted("var a; a := " + repeated("(", 20) + "1" + repeated(")", 20) + ";", 1);
         faulty("var a; a := " + repeated("- ", 21) + "1;", 3, 52);
         faulty("var a; a := " + repeated("not ", 21) + "true;", 3, 92);
         faulty("var a; a := 1" + repeated(" ** 1", 21) + ";", 3, 114);
@@ -270,10 +123,10 @@ public final class PromiseTests {
         faulty("var a; func a() = 1;", 4, 12);
         faulty("proc p(x, x); end;", 4, 10);
         faulty("proc p(x); var x; end;", 4, 15);
-        faulty("var a; proc p(a); var p; end;", 0, -1);
+        accepted("var a; proc p(a); var p; end;", 0);
         faulty("var a; a := {for i in a, i in a : i};", 4, 25);
         faulty("var a; a := {for [i, i] in a : i};", 4, 21);
-        faulty("var i; i := {for i in i : i};", 0, -2);
+        accepted("var i; i := {for i in i : i};", 1);
         faulty("var a; a := b;", 5, 12);
         faulty("var a; a := b $", 1, 14);
         faulty("var a; a := {for i in {1} : i} + {i};", 5, 34);
@@ -285,14 +138,14 @@ public final class PromiseTests {
         faulty("var a; proc p(); end; p;", 5, 22);
         faulty("var a; proc p(); end; a := 1 + p();", 5, 31);
         faulty("proc p(); q(); end; proc q(); end;", 5, 10);
-        faulty("proc p(); p(); end;", 0, -2);
-        faulty("func f(x) = f(x);", 0, -1);
+        accepted("proc p(); p(); end;", 1);
+        accepted("func f(x) = f(x);", 0);
         faulty("func f(x) = 1; print(f());", 6, 23);
         faulty("func f(x) = 1; print(f(1, 2));", 6, 27);
         faulty("proc p(x); end; p(1, 2);", 6, 22);
         faulty("var a; proc p(wr x); end; p((a));", 6, 28);
         faulty("var a; proc p(rw x); end; p(a + 1);", 6, 28);
-        faulty("var a; proc p(rw x); end; p(a(1){2}(3 .. 4));", 0, -2);
+        accepted("var a; proc p(rw x); end; p(a(1){2}(3 .. 4));", 1);
         faulty("func f() = 1; proc p(wr x); end; p(f());", 6, 35);
         faulty("quit;", 7, 0);
         faulty("if true then continue; end;", 7, 13);
@@ -302,19 +155,19 @@ public final class PromiseTests {
         for (int i = 1; i < 60; i++) {
             many.append(", v").append(i);
         }
-        faulty(many + ";", 0, -1);
+        accepted(many + ";", 0);
         faulty(many + ", v60;", 8, many.length() + 2);
         faulty(many + ", v59;", 4, many.length() + 2);
         faulty(many + "; v0 := {for i in v1 : i};", 8, many.length() + 13);
-        faulty(many + "; proc p(a); end; func f(a) = {for i in a : i}; p(1);", 0, -2);
-        faulty("func f(a, b, c, d, e, f, g, h) = 1;", 0, -1);
+        accepted(many + "; proc p(a); end; func f(a) = {for i in a : i}; p(1);", 1);
+        accepted("func f(a, b, c, d, e, f, g, h) = 1;", 0);
         faulty("func f(a, b, c, d, e, f, g, h, i) = 1;", 8, 31);
         StringBuilder funcs = new StringBuilder();
         for (int i = 0; i < 40; i++) {
             funcs.append("func f").append(i).append("() = 1;");
         }
         faulty(funcs + "proc p(); end;", 8, funcs.length() + 5);
-        faulty(repeated("stop;", 400), 0, -401);
+        accepted(repeated("stop;", 400), 400);
         faulty(repeated("stop;", 400) + "quit;", 8, 2000);
         started("var a;");
         due(5, "fault of work()", worked("1 +"), "?2 at 3");
@@ -544,11 +397,6 @@ public final class PromiseTests {
             "if 1 then 2 else 3 end", "!9");
     }
 
-    private static void workCounted(String exp, int want) {
-        int n = work(exp);
-        due(17, "WORK of " + exp + " (" + n + ")", x.shape(3), want);
-    }
-
     private static void workCounts() {
         started("var a, b; func f(x) = x; a := [1, 2]; b := true;");
         x.step(2);
@@ -754,11 +602,6 @@ public final class PromiseTests {
         due(13, "the tape stays", x.count(0), 1);
     }
 
-    private static String seen(int view, int which) {
-        int n = x.seen(view, which);
-        return shown().length() == n ? shown() : "length " + n;
-    }
-
     private static void shownBytes() {
         started("var a;");
         due(16, "how many", work("\"a\" + char(200)"), 4);
@@ -836,9 +679,6 @@ public final class PromiseTests {
         shapes();
         orders();
         counts();
-        System.out.println(checks + " checks, " + wrong + " wrong");
-        if (wrong != 0) {
-            System.exit(1);
-        }
+        finish();
     }
 }
