@@ -99,6 +99,8 @@ public final class LimitEdges extends Checks {
         workCounted("forall x in u | t", 3 + 1);
         workCounted("forall x in u | n", 1 + 1);
         workCounted("exists x in {} | t", 1 + 1);
+        workCounted("[u, exists x in u | t]", 1 + 1 + 9);
+        workCounted("[u, forall x in e | n, u]", 1 + 1 + 16);
         workCounted("t and n and t", 2);
         workCounted("n and t and t", 2);
         workCounted("t or n", 1);
@@ -363,6 +365,22 @@ public final class LimitEdges extends Checks {
         prints(10, "print(\"\"); print(\"a\", \"\", \"b\"); print([\"a\"], \"a\", {\"\"});", "/a  b/[\"a\"] a {\"\"}/");
     }
 
+    /** What is not kept any more is counted just so, strings or others. */
+    private static void countedBehindWhatIsKept() {
+        String[] exps = {"t", "s", "t, t", "t, t, t", "s, s", "t, s", "s, t", "s, t, t", "t, t, s", "n", "n, n", "om", "true, false", "a, a", "[], {}, \"\"", "\"\"", "\"\", \"\"", "[\"\", \"b\"], [\"\", \"b\"]", "-5, -5, 5"};
+        String head = "var t, s, n, a; t := [1, \"two\", {3}]; s := \"four\"; n := - (10 ** 30); a := newat; ";
+        for (String exp : exps) {
+            started(head + "print(" + exp + "); for i in {1 .. 16} do print(\"abcd\" * 999); end; print(" + exp + "); print(" + exp + "); print(1);");
+            x.step(5);
+            int once = x.state(1);
+            x.step(17);
+            due(10, "before", x.state(1), once + 16 * 3997);
+            x.step(1);
+            due(10, "one line more of " + exp, x.state(1), 2 * once + 16 * 3997);
+            due(10, "and more", x.step(9) + " " + x.state(1), "1 " + (3 * once + 16 * 3997 + 2));
+        }
+    }
+
     private static void twoThousandMillions() {
         // 1000 strings of 3996 bytes with a byte behind each, 500 times: 1998500000.
         String text = "var w, k; w := \"abcd\" * 999; for i in {1 .. 250}, j in {1, 2} do print(" + repeated("w, ", 999) + "w); end; "
@@ -412,6 +430,7 @@ public final class LimitEdges extends Checks {
         drawnMembers();
         seedAsked();
         keptAndCounted();
+        countedBehindWhatIsKept();
         twoThousandMillions();
         finish();
     }

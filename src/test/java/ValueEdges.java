@@ -1,4 +1,5 @@
 import java.math.BigInteger;
+import java.util.Random;
 
 /** Section 2 of the document, VALUES: 1024 bits, size 1001, height 31, THE ORDER, each at the last that is allowed and the first that is not. */
 public final class ValueEdges extends Checks {
@@ -54,15 +55,57 @@ public final class ValueEdges extends Checks {
         }
     }
 
+    /** Quotients that are a word's end, from both sides. */
+    private static void quotientsAtWordEnds() {
+        started("var a;");
+        for (int bits : new int[] {16, 32, 48, 64, 96, 128, 512, 960, 992, 1008, 1020}) {
+            String b = "2 ** " + bits;
+            hold(12, "(1 - 3 * " + b + ") div 3 = - (" + b + ")", "(1 - 3 * " + b + ") mod 3 = 1", "(3 * " + b + " - 1) div 3 = " + b + " - 1", "(3 * " + b + " - 1) div -3 = 1 - " + b, "(- 3 * " + b + ") div 3 = - (" + b + ")",
+                "(- 3 * " + b + " - 1) div 3 = - (" + b + ") - 1", "(3 * " + b + " + 1) div - 3 = - (" + b + ")", "- (" + b + ") div (" + b + " + 1) = -1", "(" + b + " - 1) div - (" + b + ") = 0", "(1 - " + b + ") div - (" + b + ") = 1",
+                "(" + b + ") div (" + b + " - 1) = 1", "(" + b + ") mod (" + b + " - 1) = 1", "(" + b + " - 1) mod (" + b + ") = " + b + " - 1", "-1 mod (" + b + ") = " + b + " - 1");
+        }
+    }
+
+    private static void wholesAtRandom() {
+        Random random = new Random(5);
+        for (int turn = 0; turn < 40; turn++) {
+            started("var a;");
+            for (int i = 0; i < 25; i++) {
+                BigInteger a = new BigInteger(1 + random.nextInt(1024), random);
+                BigInteger b = new BigInteger(1 + random.nextInt(turn % 2 == 0 ? 1024 : 100), random);
+                BigInteger multiple = b.multiply(BigInteger.valueOf(random.nextInt(1000)));
+                a = i % 5 == 0 && fits(multiple) ? multiple : a;
+                wholesOf(random.nextBoolean() ? a.negate() : a, random.nextBoolean() ? b.negate() : b);
+            }
+        }
+    }
+
+    private static boolean fits(BigInteger n) {
+        return n.abs().bitLength() <= 1024;
+    }
+
+    /** All operators of the two, but for what has too many bits, which errs. */
     private static void wholesOf(BigInteger a, BigInteger b) {
-        String all = "[" + written(a) + ", " + written(b) + "]";
-        BigInteger mod = b.signum() == 0 ? null : a.mod(b.abs());
-        String divided = mod == null ? "" : ", p(1) mod p(2), p(1) div p(2)";
-        String want = "[" + a.add(b) + ", " + a.subtract(b) + ", " + a.multiply(b) + (mod == null ? "" : ", " + mod + ", " + a.subtract(mod).divide(b))
-            + ", " + (a.compareTo(b) < 0) + ", " + a.equals(b) + "]";
-        String text = "[for p in [" + all + "] : [p(1) + p(2), p(1) - p(2), p(1) * p(2)" + divided + ", p(1) < p(2), p(1) = p(2)]](1)";
-        BigInteger product = a.multiply(b);
-        due(12, text, worked(text), product.bitLength() > 1024 && product.abs().bitLength() > 1024 ? "!5" : want);
+        String pair = "for p in [[" + written(a) + ", " + written(b) + "]] : ";
+        StringBuilder text = new StringBuilder("[" + pair + "[p(1) < p(2), p(1) = p(2)");
+        StringBuilder want = new StringBuilder("[" + (a.compareTo(b) < 0) + ", " + a.equals(b));
+        if (b.signum() != 0) {
+            BigInteger mod = a.mod(b.abs());
+            text.append(", p(1) mod p(2), p(1) div p(2)");
+            want.append(", " + mod + ", " + a.subtract(mod).divide(b));
+        }
+        BigInteger[] results = {a.add(b), a.subtract(b), a.multiply(b)};
+        String[] signs = {"+", "-", "*"};
+        for (int i = 0; i < signs.length; i++) {
+            String one = "p(1) " + signs[i] + " p(2)";
+            if (fits(results[i])) {
+                text.append(", " + one);
+                want.append(", " + results[i]);
+            } else {
+                due(12, one, worked("[" + pair + one + "]"), "!5");
+            }
+        }
+        due(12, text.toString(), worked(text + "]](1)"), want + "]");
     }
 
     /** As an exp: a NUMBER has no more than sixty digits. */
@@ -149,6 +192,49 @@ public final class ValueEdges extends Checks {
         due(7, "the value before", value("a"), repeated("[", 30) + repeated("]", 30));
     }
 
+    /** The innermost one holds something that has no height. */
+    private static void heightsOfWhatHolds() {
+        for (String inner : new String[] {"[1]", "{1}", "[\"a\"]", "{true}", "[om, 0]", "{\"\"}", "[1, {2}](1 .. 1)", "{10 ** 50}"}) {
+            ended("var a, b; a := " + inner + "; b := a; for i in {1 .. 29} do a := {a}; b := [b]; end;");
+            err(12, 5, "{a}", "[b]", "[a]", "{b}", "pow(a)");
+            hold(12, "{arb(a)} = a", "[b(1)] = b", "# [b(1), b(1)] = 2");
+            work("{arb(a), 1}");
+            due(17, "a set of height 30", x.shape(0) + " " + x.shape(2), "6 2");
+        }
+    }
+
+    /** Rows that are written out, to the last size and one beyond. */
+    private static void rowsWrittenOut() {
+        started("var t, f; t := true;");
+        x.step(1);
+        String wholes = wholesUpTo(499);
+        exps(12, "# {" + wholes + "}", "500", "# [" + wholes + "]", "500", "{" + wholes + ", 500}", "!5", "[" + wholes + ", 500]", "!5", "{" + wholes + ", t}", "!5", "[" + wholes + ", t]", "!5", "# {" + wholes + ", 7, 499, 0}", "500",
+            "[" + wholes + ", 0]", "!5", "# [" + wholes + ", om]", "500", "{" + wholes + ", om}", "!3", "# {" + wholes + repeated(", 7", 600) + "}", "500", "{" + wholes + repeated(", 7", 600) + ", 500}", "!5",
+            "{" + wholes + repeated(", 7", 600) + ", t}", "!5", "{500, " + wholes + repeated(", 7", 600) + "}", "!5", "# {" + repeated("7, ", 600) + wholes + "}", "500", "{" + repeated("7, ", 600) + wholes + ", 500}", "!5",
+            "{" + repeated("7, ", 1000) + wholes + ", t}", "!5", "# {" + repeated("7, ", 1000) + wholes + "}", "500");
+        exps(12, "# [" + repeated("t, ", 998) + "t]", "999", "[" + repeated("t, ", 999) + "t]", "!5", "# [" + repeated("om, ", 998) + "t]", "999", "[" + repeated("om, ", 999) + "t]", "!5", "[" + repeated("t, ", 998) + "1]", "!5",
+            "# [" + repeated("t, ", 998) + "t" + repeated(", om", 300) + "]", "999", "[" + repeated("t, ", 998) + "t" + repeated(", om", 300) + ", t]", "!5", "# [" + repeated("t, ", 997) + "1" + repeated(", om", 300) + "]", "998");
+    }
+
+    private static String wholesUpTo(int n) {
+        StringBuilder b = new StringBuilder("0");
+        for (int i = 1; i <= n; i++) {
+            b.append(", ").append(i);
+        }
+        return b.toString();
+    }
+
+    /** Formers that come to the last size, and one beyond it behind that. */
+    private static void formersToTheLastSize() {
+        started("var t;");
+        exps(12, "# {for i in [0 .. 399], j in [0, 100] : i + j}", "500", "{for i in [0 .. 400], j in [0, 100] : i + j}", "!5", "# {for i in [0 .. 399], j in [0, 100, 0, 50] : i + j}", "500",
+            "# {for i in [400, 399 .. 1], j in [0, 100] : i + j - 1}", "500", "{for i in [400, 399 .. 0], j in [0, 100] : i + j}", "!5", "{for i in [1 .. 333], j in [1, 2, 3] : if i * j = 999 then true else i end}", worked("{true} + {1 .. 333}"),
+            "# [for i in [1 .. 333], j in [1, 2, 3] : false]", "999", "[for i in [1 .. 333], j in [1, 2, 3, 4] : if j < 4 then false elseif i = 333 then false else om end]", "!5",
+            "# [for i in [1 .. 333], j in [1, 2, 3] : if j < 3 then om else false end]", "999", "# [for i in [1 .. 334], j in [1, 2, 3] : if i < 334 then false else om end]", "999",
+            "[for i in [1 .. 334], j in [1, 2, 3] : if i < 334 then false elseif j = 3 then true else om end]", "!5", "[for i in [1 .. 334], j in [1, 2, 3] : if i < 334 then om elseif j = 1 then true else om end]", "!5",
+            "{for i in [1 .. 2] : if i = 1 then [true] * 998 else true end}", "!5", "# {for i in [1 .. 2] : if i = 1 then [true] * 997 else true end}", "2");
+    }
+
     // ------------------------------------------------ what values hold
 
     private static void omAtTheEnd() {
@@ -164,6 +250,17 @@ public final class ValueEdges extends Checks {
 
     private static void equalByWhatTheyHold() {
         ended("var a, b, f; a := newat; b := newat; f := {[1, 2]};");
+        // The same wholes by several ways, round about those that small handles hold.
+        exps(12, "{- 134217728, 0 - 134217728, -134217727 - 1, (-2) ** 27, -268435456 div 2, -67108864 * 2, -268435455 + 134217727, - (2 ** 27), 2 ** 40 - (2 ** 40 + 2 ** 27)}", "{-134217728}",
+            "{134217727, 134217728 - 1, 2 ** 27 - 1, 268435454 div 2, 134217726 + 1, abs(-134217727), 2 ** 40 - (2 ** 40 - 2 ** 27 + 1), -1 mod 134217728, 0 - -134217727}", "{134217727}",
+            "{134217728, 134217727 + 1, 2 ** 27, 268435456 div 2, abs(-134217728), - (-134217728), -134217728 * -1, -134217728 div -1, 67108864 * 2, -1 mod 134217729}", "{134217728}",
+            "{-134217729, -134217728 - 1, - (2 ** 27 + 1), -134217729 * 1, -268435458 div 2, 2 ** 40 - (2 ** 40 + 2 ** 27 + 1)}", "{-134217729}",
+            "{0, 5 - 5, 0 * 7, 2 ** 40 - 2 ** 40, - 0, 7 mod 7, 1 div 5, 10 ** 30 - 10 ** 30, 10 ** 30 mod 10, 0 * 10 ** 30, 10 ** 30 div 10 ** 31, - (10 ** 30 - 10 ** 30), abs(0), # {}}", "{0}",
+            "{4294967295, 2 ** 32 - 1, 65535 * 65537, 4294967296 - 1, 4294967294 + 1, - (1 - 2 ** 32)}", "{4294967295}", "{[2 ** 27 .. 2 ** 27 + 1](1), {-5 .. 2 ** 27} * {2 ** 27} = {2 ** 27}, 2 ** 27}", "!5",
+            "{[2 ** 27 - 1 .. 2 ** 27 + 1](2), [2 ** 27, 2 ** 27 - 1 .. 0](1) = 1, 2 ** 27}", "!5", "{[2 ** 27 - 1 .. 2 ** 27 + 1](2), 2 ** 27}", "{134217728}", "{[2 ** 27 + 1, 2 ** 27 .. 2 ** 27 - 1](3), 2 ** 27 - 1}", "{134217727}",
+            "{random(1), 1, code(char(1)), # [0], abs(-1), 3 div 3}", "{1}", "{\"a\", char(97), \"ba\"(2), \"abc\"(1 .. 1), rev(\"a\"), \"a\" * 1, \"\" + \"a\", [for c in \"a\" : c](1), str(1)(2 .. 1) + \"a\"}", "{\"a\"}",
+            "{\"\", \"a\" * 0, \"a\"(1 .. 0), \"\" + \"\", rev(\"\"), str(1)(1 .. 0)}", "{\"\"}", "{[], [om], [1] * 0, [1](1 .. 0), rev([]), [] + [], [for x in {} : x], [1, om](2 .. 1)}", "{[]}",
+            "{{}, {1} - {1}, {1} * {2}, {for x in [] : x}, domain({}), range({}), {2 .. 1}, {[1, 2]}{3}}", "{{}}");
         hold(12, "{1, 2, 1} = {2, 1}", "[1, 2] /= [2, 1]", "{{1, 2}} = {{2, 1}}", "{[1, {2, 3}]} = {[1, {3, 2}]}", "\"a\" + \"b\" = \"ab\"", "10 ** 20 = 100000000000000000000", "# {10 ** 20, 10 ** 20} = 1",
             "# {\"ab\", \"a\" + \"b\"} = 1", "a = a", "a /= b", "# {a, a, b} = 2", "om = om", "{} = {1} - {1}", "[] = [om]", "\"\" /= []", "[] /= {}", "0 /= false", "1 /= true", "\"1\" /= 1", "om /= false",
             "{[1, 2]} = f", "str(1) = \"1\"", "- 0 = 0", "0 * -5 = 0", "-5 + 5 = 0", "char(97) = \"a\"", "\"abc\"(2) = \"b\"", "2 ** 27 - 1 + 1 = 2 ** 27", "- (2 ** 27) = 0 - 2 ** 27",
@@ -186,10 +283,15 @@ public final class ValueEdges extends Checks {
         wholesOfManyBits();
         sizesOfWholes();
         wholesAtWordEnds();
+        quotientsAtWordEnds();
+        wholesAtRandom();
         strings();
         tuplesAndSets();
         writingToTheLastSize();
         heights();
+        heightsOfWhatHolds();
+        rowsWrittenOut();
+        formersToTheLastSize();
         omAtTheEnd();
         equalByWhatTheyHold();
         theOrder();

@@ -222,6 +222,35 @@ public final class WorkEdges extends Checks {
         errs(7, "var w; w := \"ab\"; @w{1} := \"a\";", "", 1);
     }
 
+    /** Rows among the parts of a target, read and written. */
+    private static void rowsAmongParts() {
+        prints(7, "var t; t := [1, 2, 3]; t(1 .. 2) + := [9]; print(t); t(2 .. 3) * := 2; print(t); t(1 .. 0) + := [7]; print(t); t(7 .. 6) + := [8]; print(t);",
+            "[1, 2, 9, 3]/[1, 2, 9, 2, 9, 3]/[7, 1, 2, 9, 2, 9, 3]/[7, 1, 2, 9, 2, 9, 8, 3]/");
+        prints(7, "var a, t; t := [1, 2, 3, 4]; a fromb t(2 .. 3); print(a, t); a frome t(1 .. 2); print(a, t); a frome t(1 .. 0); print(a, t); a fromb t(2 .. 2); print(a, t);", "2 [1, 3, 4]/3 [1, 4]/om [1, 4]/4 [1]/");
+        prints(7, "var t; t := [1, 2, 3]; t(1 .. 2)(1) := 5; print(t); t(2 .. 3)(4) := 6; print(t); t(1 .. 5)(2 .. 3)(1 .. 1) := []; print(t);", "[5, 2, 3]/[5, 2, 3, om, 6]/[5, 3, om, 6]/");
+        prints(7, "var t; t := [[\"abc\", 1], 2]; t(1)(1)(2 .. 3) := \"xyz\"; t(1)(1)(1) := \"-\"; print(t); t(1)(1)(2 .. 2) + := \"!\"; print(t); t(1)(1 .. 2)(3) := 0; print(t);",
+            "[[\"-xyz\", 1], 2]/[[\"-x!yz\", 1], 2]/[[\"-x!yz\", 1, 0], 2]/");
+        errs(7, "var t; t := [1, 2, 3]; @t(2 .. 4)(1) := 5;", "", 4);
+        errs(7, "var t; t := [1, 2, 3]; @t(1 .. 2)(1)(1) := 5;", "", 1);
+        errs(7, "var t; t := [1, 2, 3]; @t(3 .. 5) + := [1];", "", 4);
+        errs(7, "var t; t := [1, 2, 3]; @t(1 .. 2) + := 1;", "", 1);
+        errs(7, "var t; t := [1, 2, 3]; @t(1 .. 2) - := [1];", "", 1);
+        prints(7, "proc p(rw a, wr b); a := a + [0]; b := \"q\"; end; var t, w; t := [1, 2, 3]; w := \"abc\"; p(t(2 .. 3), w(2)); print(t, w); p(t(1 .. 0), w(4)); print(t, w);", "[1, 2, 3, 0] aqc/[0, 1, 2, 3, 0] aqcq/");
+        prints(7, "proc p(rw a); end; proc q(rw a); a := []; return [5, 6]; end; var t; t := [1, 2, 3]; p(t(1 .. 2)); print(t); t(1 .. 1) := q(t(2 .. 3)); print(t);", "[1, 2, 3]/[5, 6]/");
+    }
+
+    /** What comes first: exps from the left, then what is done with them. */
+    private static void whatComesFirst() {
+        errs(7, "@print(1, 1 div 0);", "", 2);
+        errs(7, "print(1); @print(2, om + 1, 1 div 0);", "1/", 1);
+        errs(7, "@print({om}, 1 div 0);", "", 3);
+        started("var a;");
+        err(12, 2, "[1 div 0, om + 1]", "{1 div 0, om}", "1 div 0 + om", "om + 1 div 0", "(1 div 0)(om + 1)", "[1](1 div 0)", "[1 div 0 .. om + 1]", "{om .. 1 div 0}", "[1, om .. 1 div 0]", "# (1 div 0)", "om < 1 div 0",
+            "om in 1 div 0", "om(1 div 0)", "om{1 div 0}", "om(om .. 1 div 0)", "om ** (1 div 0)", "om div (1 div 0)", "[for x in {1 div 0}, y in om : x]", "exists x in [1 div 0] | om");
+        err(12, 1, "[om + 1, 1 div 0]", "om + 1 + 1 div 0", "(om + 1)(1 div 0)", "[for x in om, y in {1 div 0} : x]", "[for x in {1}, y in om : 1 div 0]");
+        err(12, 9, "om and 1 div 0 = 1", "not om and 1 div 0 = 1", "if om then 1 div 0 else 1 end", "{for x in {1} | om : 1 div 0}");
+    }
+
     private static void writingMaps() {
         prints(7, "var f; f := {}; f(1) := 2; print(f); f(1) := 3; print(f); f(1) := om; print(f); f(1) := om; print(f); f(om) := 1; print(f); f(\"x\") := {}; print(f);",
             "{[1, 2]}/{[1, 3]}/{}/{}/{[om, 1]}/{[om, 1], [\"x\", {}]}/");
@@ -397,6 +426,8 @@ public final class WorkEdges extends Checks {
         partsOfStringsAndTuples();
         writingTuples();
         writingRows();
+        rowsAmongParts();
+        whatComesFirst();
         writingMaps();
         iters();
         forsOverWhatIsThere();
