@@ -106,6 +106,25 @@ public final class LongRuns extends Checks {
         due(7, "a long run", x.state(2) + " " + x.state(5) + " " + x.state(8) + " " + output(), "0 20 1 3000\n");
     }
 
+    private static String itersOf(int n) {
+        StringBuilder b = new StringBuilder();
+        for (int i = 0; i < n; i++) {
+            b.append(i == 0 ? "i" : ", i").append(i).append(" in ").append(i == 0 ? "[n]" : "{i" + (i - 1) + "}");
+        }
+        return b.toString();
+    }
+
+    /** Twenty funcs are open, each with fifty-nine names of iters, and the exp that calls with sixty. */
+    private static void allNamesOfIters() {
+        started("var n; func f(n) = exists " + itersOf(59) + " | i58 = 0 or f(i58 - 1) and i57 = i0 and i30 = n and i58 = n; func g(n) = [for " + itersOf(59) + " | n > 0 and i58 = i1 : g(i58 - 1)]; n := 19;");
+        x.step(1);
+        String rows = repeated("[", 20) + repeated("]", 20);
+        exps(12, "f(19)", "true", "g(19)", rows, "f(20)", "!7", "g(20)", "!7", "exists " + itersOf(60) + " | f(i59) and i59 = n and i0 = n", "true", "[for " + itersOf(60) + " : g(i59)]", "[" + rows + "]");
+        feed("[for " + itersOf(60) + " : g(i59) + [i0]]");
+        x.view();
+        due(14, "in a view", x.round() + " " + seen(0, 0), "1 [" + rows.substring(0, 39) + ", 19]]");
+    }
+
     /** One program after the other, with views, in one object. */
     private static void manyTexts() {
         x = new SetHouse();
@@ -130,6 +149,7 @@ public final class LongRuns extends Checks {
         shownAndSeen();
         backAgain();
         nothingIsLeftBehind();
+        allNamesOfIters();
         manyTexts();
         finish();
     }

@@ -178,6 +178,7 @@ public final class ValueEdges extends Checks {
 
     private static void heights() {
         ended("var a, b, c; a := {}; b := []; c := {{}}; for i in {1 .. 29} do a := {a}; b := [b]; end; for i in {1 .. 28} do c := {c, {}}; end;");
+        due(7, "height 30 is no error", x.state(2), 0);
         due(12, "height 30", value("a"), repeated("{", 30) + repeated("}", 30));
         due(12, "height 30", value("b"), repeated("[", 30) + repeated("]", 30));
         err(12, 5, "{a}", "[a]", "{b}", "[b]", "{1, a}", "[om, a]", "pow(a)", "pow({a})", "{for i in {1} : a}", "[for i in {1} : a]", "[a] * 0", "{c}", "[1, b, 2]", "[[a]]", "{[], b}", "{[1, a]}");
@@ -196,6 +197,7 @@ public final class ValueEdges extends Checks {
     private static void heightsOfWhatHolds() {
         for (String inner : new String[] {"[1]", "{1}", "[\"a\"]", "{true}", "[om, 0]", "{\"\"}", "[1, {2}](1 .. 1)", "{10 ** 50}"}) {
             ended("var a, b; a := " + inner + "; b := a; for i in {1 .. 29} do a := {a}; b := [b]; end;");
+            due(7, "height 30 is no error", x.state(2), 0);
             err(12, 5, "{a}", "[b]", "[a]", "{b}", "pow(a)");
             hold(12, "{arb(a)} = a", "[b(1)] = b", "# [b(1), b(1)] = 2");
             work("{arb(a), 1}");
@@ -211,6 +213,7 @@ public final class ValueEdges extends Checks {
         exps(12, "# {" + wholes + "}", "500", "# [" + wholes + "]", "500", "{" + wholes + ", 500}", "!5", "[" + wholes + ", 500]", "!5", "{" + wholes + ", t}", "!5", "[" + wholes + ", t]", "!5", "# {" + wholes + ", 7, 499, 0}", "500",
             "[" + wholes + ", 0]", "!5", "# [" + wholes + ", om]", "500", "{" + wholes + ", om}", "!3", "# {" + wholes + repeated(", 7", 600) + "}", "500", "{" + wholes + repeated(", 7", 600) + ", 500}", "!5",
             "{" + wholes + repeated(", 7", 600) + ", t}", "!5", "{500, " + wholes + repeated(", 7", 600) + "}", "!5", "# {" + repeated("7, ", 600) + wholes + "}", "500", "{" + repeated("7, ", 600) + wholes + ", 500}", "!5",
+            "{" + wholesUpTo(600) + ", om" + repeated(", 7", 600) + "}", "!3", "{" + wholesUpTo(600) + repeated(", 7", 600) + ", om}", "!3", "{om, " + wholesUpTo(600) + repeated(", 7", 600) + "}", "!3",
             "{" + repeated("7, ", 1000) + wholes + ", t}", "!5", "# {" + repeated("7, ", 1000) + wholes + "}", "500");
         exps(12, "# [" + repeated("t, ", 998) + "t]", "999", "[" + repeated("t, ", 999) + "t]", "!5", "# [" + repeated("om, ", 998) + "t]", "999", "[" + repeated("om, ", 999) + "t]", "!5", "[" + repeated("t, ", 998) + "1]", "!5",
             "# [" + repeated("t, ", 998) + "t" + repeated(", om", 300) + "]", "999", "[" + repeated("t, ", 998) + "t" + repeated(", om", 300) + ", t]", "!5", "# [" + repeated("t, ", 997) + "1" + repeated(", om", 300) + "]", "998");
@@ -222,6 +225,22 @@ public final class ValueEdges extends Checks {
             b.append(", ").append(i);
         }
         return b.toString();
+    }
+
+    /** Words and rows of wholes whose value has the last size. */
+    private static void wordsToTheLastSize() {
+        started("var t;");
+        // 1, a set of 1 for each of 2 ** n, and each member in half of these.
+        exps(12, "# pow({true, 1, 2, 3, 4, 5, 6})", "128", "pow({1 .. 7})", "!5", "# pow({[0] * 18, 0, true, false, 1, 2, 3})", "!5", "# pow({[0] * 21, 0, true, false, 1, 2})", "64", "pow({[0] * 22, 0, true, false, 1, 2})", "!5",
+            "# pow({[0] * 996})", "2", "pow({[0] * 997})", "!5", "# pow({[0] * 495, true})", "4", "pow({[0] * 496, true})", "!5", "# pow({[0] * 494, true})", "4");
+        // 1, then sizes of 1, 2 and 332 times 3.
+        exps(12, "# [0, 2 ** 31 .. 333 * 2 ** 31]", "334", "# {0, 2 ** 31 .. 333 * 2 ** 31}", "334", "[0, 2 ** 31 .. 334 * 2 ** 31]", "!5", "{0, 2 ** 31 .. 334 * 2 ** 31}", "!5", "# [0, 2 ** 31 .. 334 * 2 ** 31 - 1]", "334",
+            "# {333 * 2 ** 31, 332 * 2 ** 31 .. 0}", "334", "# [333 * 2 ** 31, 332 * 2 ** 31 .. 0]", "334", "{334 * 2 ** 31, 333 * 2 ** 31 .. 0}", "!5", "[334 * 2 ** 31, 333 * 2 ** 31 .. 0]", "!5", "# {0, - (2 ** 31) .. - (333 * 2 ** 31)}", "334",
+            "{0, - (2 ** 31) .. - (334 * 2 ** 31)}", "!5", "# {2 ** 27 - 3 .. 2 ** 27 + 495}", "499", "{2 ** 27 - 3 .. 2 ** 27 + 496}", "!5", "# {-250 .. 249}", "500", "{-250 .. 250}", "!5", "# {499, 498 .. 0}", "500", "{500, 499 .. 0}", "!5",
+            "arb({333 * 2 ** 31, 332 * 2 ** 31 .. 0})", "0", "[5 * 2 ** 31, 4 * 2 ** 31 .. 0](6)", "0");
+        errs(7, "var f; f := {[0, true]}; f{0} := {0 .. 249}; print(# f, # f{0}); f{0} := {0 .. 249}; @f{0} := {0 .. 249} + {true};", "250 250/", 5);
+        errs(7, "var f; f := {[1, 0]}; f{0} := {0 .. 248}; print(# f); f{0} := {1 .. 248} + {true}; f{1} := {}; f{0} := {0 .. 249}; @f{1} := {0};", "250/", 5);
+        errs(7, "var f; f := {}; f{0} := {0 .. 248}; f(true) := false; print(# f); f(true) := 1; @f(true) := [1];", "250/", 5);
     }
 
     /** Formers that come to the last size, and one beyond it behind that. */
@@ -291,6 +310,7 @@ public final class ValueEdges extends Checks {
         heights();
         heightsOfWhatHolds();
         rowsWrittenOut();
+        wordsToTheLastSize();
         formersToTheLastSize();
         omAtTheEnd();
         equalByWhatTheyHold();
