@@ -6,7 +6,7 @@ abstract class Checks {
     private static int checks = 0;
 
     /** The object that is tested now. */
-    static SetHouse x;
+    static House x;
 
     interface Call {
         long answer();
@@ -120,7 +120,7 @@ abstract class Checks {
     }
 
     static void fresh(String text) {
-        x = new SetHouse();
+        x = new House();
         int statements = program(text);
         if (statements < 0) {
             due(4, "a text without a fault: " + text, x.fault() + " at " + (-1 - statements), "0");
@@ -139,7 +139,7 @@ abstract class Checks {
 
     /** The fault's code and place, or how many statements there are. */
     static String read(String text) {
-        x = new SetHouse();
+        x = new House();
         int answer = program(text);
         return answer < 0 ? x.fault() + " at " + (-1 - answer) : x.fault() == 0 ? String.valueOf(answer) : "fault " + x.fault();
     }
@@ -154,7 +154,7 @@ abstract class Checks {
 
     /** What a program prints, a line's end as / ; behind it an error as !n at its place. */
     static String run(String text) {
-        x = new SetHouse();
+        x = new House();
         int n = program(text);
         if (n < 0) {
             return "?" + x.fault() + " at " + (-1 - n);

@@ -266,6 +266,36 @@ public final class LimitEdges extends Checks {
         due(9, "and keeps it", x.state(6), 2 + 4 + 1 + 2);
     }
 
+    /** A point counts with what it was, wherever something is to be assigned, gone over, called or made. */
+    private static void totalBesidePoints() {
+        // Nineteen thousands and w: 19001 at the point and now; then w has 1000, and 999 are left.
+        String head = thousands(19, ", w") + "proc p(a); var b; end; " + filled(19) + "if ok then ";
+        prints(7, head + "print(1); end;", "1/");
+        due(9, "TOTAL with a point", x.state(6), 38002);
+        prints(7, head + "w := [0] * 998; print(1); end;", "1/");
+        due(9, "TOTAL", x.state(6), 38002 - 1 + 999);
+        String near = head + "w := [0] * 999; ";
+        prints(7, near + "v0 := 0; v1 := 0; v2 := 0; print(1); end;", "1/");
+        due(9, "TOTAL", x.state(6), 38002 - 1 + 1000 - 3 * 999);
+        prints(7, near + "p([0] * 997); print(1); end;", "1/");
+        errs(7, near + "@p([0] * 998); print(1); end;", "", 6);
+        errs(7, near + "@if ok then print(1); end; end;", "", 6);
+        // With a for's name 997 are left, with two 995.
+        prints(7, near + "for x in [0] * 996 do quit; end; print(1); end;", "1/");
+        errs(7, near + "@for x in [0] * 997 do quit; end; print(1); end;", "", 6);
+        errs(7, near + "for x in [1] + [0] * 993 do print(x); @x := 2 ** 32; end; end;", "1/", 6);
+        errs(7, near + "@for x in [1] + [0] * 994 do print(x); end; end;", "", 6);
+        prints(7, near + "p(t(1 .. 993)); fail; else p(t); for x in t, y in t do quit; end; w := t; print(1); end;", "1/");
+        errs(7, near + "@p(t(1 .. 994)); fail; else p(t); for x in t, y in t do quit; end; w := t; print(1); end;", "", 6);
+        prints(7, near + "succeed; p(t); for x in t, y in t do quit; end; print(1); end;", "1/");
+        String two = thousands(13, ", w") + filled(13) + "if ok then if ok then w := true; ";
+        // 13001 for each of the two points, and what is now: 39003; 997 more.
+        prints(7, two + "w := [0] * 997; print(1); end; end;", "1/");
+        due(9, "TOTAL with two points", x.state(6) + " " + x.state(5), "40000 2");
+        errs(7, two + "@w := [0] * 998; end; end;", "", 6);
+        errs(7, two + "w := [0] * 997; w := [0] * 995 + [1]; @w := [0] * 996 + [1]; end; end;", "", 6);
+    }
+
     private static void totalAtFirst() {
         String text = "var a, b; func f(x, y) = {for z in x : z}; proc p(c); var d; for e in c do end; end; for [i, j] in {} do b := {for k in b : exists l in b | l = k}; end; ";
         started(text);
@@ -367,7 +397,7 @@ public final class LimitEdges extends Checks {
 
     /** What is not kept any more is counted just so, strings or others. */
     private static void countedBehindWhatIsKept() {
-        String[] exps = {"t", "s", "t, t", "t, t, t", "s, s", "t, s", "s, t", "s, t, t", "t, t, s", "n", "n, n", "om", "true, false", "a, a", "[], {}, \"\"", "\"\"", "\"\", \"\"", "[\"\", \"b\"], [\"\", \"b\"]", "-5, -5, 5"};
+        String[] exps = {"t", "s", "t, t", "t, t, t", "s, s", "t, s", "s, t", "s, t, t", "t, t, s", "t, n, t", "n, t, n, t", "t, t, n, n, t, t", "t, s, t", "n, s, s, n", "n", "n, n", "om", "true, false", "a, a", "[], {}, \"\"", "\"\"", "\"\", \"\"", "[\"\", \"b\"], [\"\", \"b\"]", "-5, -5, 5"};
         String head = "var t, s, n, a; t := [1, \"two\", {3}]; s := \"four\"; n := - (10 ** 30); a := newat; ";
         for (String exp : exps) {
             started(head + "print(" + exp + "); for i in {1 .. 16} do print(\"abcd\" * 999); end; print(" + exp + "); print(" + exp + "); print(1);");
@@ -424,6 +454,7 @@ public final class LimitEdges extends Checks {
         totalOfFors();
         totalOfCalls();
         totalOfPoints();
+        totalBesidePoints();
         totalAtFirst();
         millionAtoms();
         theSeed();

@@ -68,6 +68,25 @@ public final class LongRuns extends Checks {
         due(14, "and is told from what is", x.round() + seen(0, 0) + seen(0, 1) + seen(1, 1), 0 + before + "{}{}");
     }
 
+    /** Values of other shapes than all that the run makes meanwhile. */
+    private static void shownWhileValuesMove() {
+        started("var a, k; " + MADE + "k := 0; while true do k + := 1; a := {e(k), e(k + 1)}; end;");
+        String[] texts = {"{1 .. 77}", "[\"abcdefghij\"] * 9", "2 ** 777", "\"xyz\" * 100", "{for i in {1 .. 30} : [i, {i}]}", "[[[[5]]], 2 ** 40, \"ab\"]"};
+        for (String text : texts) {
+            for (String second : texts) {
+                String first = worked(text);
+                String last = worked(second);
+                String shape = x.shape(0) + " " + x.shape(1) + " " + x.shape(2) + " " + x.order();
+                x.step(400);
+                due(17, "what was shown before " + text + " and " + second, x.shape(0) + " " + x.shape(1) + " " + x.shape(2) + " " + x.order(), shape);
+                due(16, "its bytes", shown(), last);
+                worked(second);
+                due(18, "the same again", x.order(), 0);
+                due(12, "and the first one", worked(text), first);
+            }
+        }
+    }
+
     private static void backAgain() {
         String text = "var q, k, f, g; " + MADE + "q := []; k := 0; while k < 6000 do k + := 1; q + := [e(k)]; if # q > 10 then f fromb q; end; if k mod 50 = 0 then if ok then g := e(random(100)); fail; end; print(random(9), newat); end; end;";
         int[] places = {0, 1, 33, 500, 2499, 2500, 7777, 12000, 19999};
@@ -97,8 +116,8 @@ public final class LongRuns extends Checks {
         String turn = "[a, -, t(1)] := [i, 2, 3]; s := {1, 2, 3}; a from s; t := [1, 2, 3]; a fromb t; a frome t(2 .. 2); a from f{7}; t(1) from s; a := p(1, b, t); p(i, t(1), f(2)); t(1) := p(2, b, a); q(); "
             + "if ok then succeed; end; if ok then fail; elseif i = 0 then stop; end; "
             + "for x in {1, 2}, [y] in {[1], [2]} do if y = 2 then quit; end; continue; end; while true do if i > 0 then quit; end; end; t(1 .. 1) + := [1]; f{1} + := {2}; f(1) := 2; "
-            + "a := exists x in {1, 2}, y in [x] | y = 2; a := {for x in {1, 2} : [for z in [x] : z]}; a := max / [1, 2]; a := + / [1, 2] + g(3); if a = 1 then elseif a = 2 then else end; assert true; ";
-        started("var i, a, b, s, t, f; func g(n) = if n = 0 then 0 else g(n - 1) end; proc p(rd x, wr y, rw z); for u in {1, 2} do for v in {u} do if v = 2 then return x; end; end; end; end; proc q(); end; "
+            + "a := exists x in {1, 2}, y in [x] | y = 2; a := {for x in {1, 2} : [for z in [x] : z]}; t := [1, 2, 3]; t(1 .. 1) := [4, 5]; [t(1 .. 1), a, t(2 .. 2)] := [[1], 2, [3]]; u := [[1], [2]]; t(1 .. 0) fromb u; t(1 .. 1)(1) frome u; t(1 .. 2)(1) := p(1, b, t(2 .. 2)); a := max / [1, 2]; a := + / [1, 2] + g(3); if a = 1 then elseif a = 2 then else end; assert true; ";
+        started("var i, a, b, s, t, f, u; func g(n) = if n = 0 then 0 else g(n - 1) end; proc p(rd x, wr y, rw z); for u in {1, 2} do for v in {u} do if v = 2 then return x; end; end; end; end; proc q(); end; "
             + "i := 0; t := []; f := {}; while i < 3000 do i + := 1; " + turn + "end; " + points + "print(i);");
         for (int i = 0; i < 20; i++) {
             x.step(20000);
@@ -127,7 +146,7 @@ public final class LongRuns extends Checks {
 
     /** One program after the other, with views, in one object. */
     private static void manyTexts() {
-        x = new SetHouse();
+        x = new House();
         for (int i = 0; i < 25; i++) {
             program("var a, b; func f(n) = [n, \"" + repeated("x", i) + "\", n * 10 ** " + i + "]; a := f(" + i + "); b := {for k in {1 .. 9} : f(k)}; print(a, # b);");
             x.start(i);
@@ -147,6 +166,7 @@ public final class LongRuns extends Checks {
         points();
         frames();
         shownAndSeen();
+        shownWhileValuesMove();
         backAgain();
         nothingIsLeftBehind();
         allNamesOfIters();

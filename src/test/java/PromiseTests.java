@@ -3,7 +3,7 @@ public final class PromiseTests extends Checks {
     // ------------------------------------------------ promises
 
     private static void newObject() {
-        x = new SetHouse();
+        x = new House();
         for (int what = 0; what <= 4; what++) {
             due(1, "count of a new object", x.count(what), 0);
         }
@@ -20,31 +20,24 @@ public final class PromiseTests extends Checks {
     }
 
     private static void feeding() {
-        x = new SetHouse();
+        x = new House();
         due(2, "first feed", x.feed(0x31323334, 0x35363738, 0x39303132, 0x33343536, 0x37383930), 20);
         due(2, "second feed", x.feed(0x2b312020, 0x20202020, 0x20202020, 0x20202020, 0x20202020), 40);
         x.end(22);
-        SetHouse tape = x;
+        House tape = x;
         fresh("var a;");
         x.start(1);
         x.feed(0x31323334, 0x35363738, 0x39303132, 0x33343536, 0x37383930);
         x.work();
         due(2, "bytes, the highest first", shown(), "12345678901234567890");
         x = tape;
+        due(2, "one behind the other", x.feed(0, 0, 0, 0, 0), 42);
         x.end(0);
-        for (int i = 0; i < 1638; i++) {
-            x.feed(0x20202020, 0x20202020, 0x20202020, 0x20202020, 0x20202020);
-        }
-        due(2, "nearly full", x.count(0), 32760);
-        throwsDue(2, "too much", "UnsupportedOperationException", () -> x.feed(0, 0, 0, 0, 0));
-        due(2, "as it was", x.count(0), 32760);
-        x.end(32748);
-        due(2, "just full", x.feed(0x20202020, 0x20202020, 0x20202020, 0x20202020, 0x20202020), 32768);
-        due(2, "a full tape of blanks", x.program(), 0);
+        due(2, "all zeros", x.feed(0, 0, 0, 0, 0) + " " + x.program() + " " + x.fault(), "20 -1 1");
     }
 
     private static void ending() {
-        x = new SetHouse();
+        x = new House();
         throwsDue(3, "end(1) of none", "IllegalArgumentException", () -> { x.end(1); return 0; });
         throwsDue(3, "end(0) of none", "0", () -> { x.end(0); return 0; });
         feed("abc");
@@ -59,7 +52,7 @@ public final class PromiseTests extends Checks {
     }
 
     private static void programs() {
-        x = new SetHouse();
+        x = new House();
         due(4, "an empty program", x.program(), 0);
         due(4, "statements within others and in procs",
             program("var a; proc p(); if true then a := 1; else while false do a := 2; end; end; end; p(); for i in {} do quit; end;"), 7);
@@ -80,7 +73,7 @@ public final class PromiseTests extends Checks {
     }
 
     private static void faults() {
-        x = new SetHouse();
+        x = new House();
         program("$");
         due(5, "fault of program()", x.fault(), 1);
         program("");
@@ -181,7 +174,7 @@ public final class PromiseTests extends Checks {
     }
 
     private static void starts() {
-        x = new SetHouse();
+        x = new House();
         throwsDue(6, "no program", "IllegalStateException", () -> { x.start(1); return 0; });
         due(6, "a fault is no program", program("x"), -1);
         throwsDue(6, "still none", "IllegalStateException", () -> { x.start(1); return 0; });
@@ -232,22 +225,25 @@ public final class PromiseTests extends Checks {
         due(8, "none", x.back(0), 0);
         throwsDue(8, "below 0", "IllegalArgumentException", () -> x.back(-1));
         throwsDue(8, "not so many", "IllegalArgumentException", () -> x.back(1));
-        String[] states = new String[4001];
-        for (int i = 0; i <= 4000; i++) {
+        int[] places = {0, 1, 2, 31, 32, 33, 255, 256, 257, 500, 511, 513, 1000, 1999, 2001, 2048, 3967, 3998, 3999, 4000};
+        String[] states = new String[places.length];
+        for (int i = 0; i < places.length; i++) {
+            x.start(7);
+            x.step(places[i]);
             states[i] = all();
-            x.step(1);
         }
-        due(8, "how many then", x.back(1), 4000);
-        due(8, "as it was", all(), states[4000]);
-        for (int n : new int[] {1, 1, 30, 1, 500, 1, 1000, 2, 2000}) {
-            int begun = x.back(n);
-            due(8, "back to " + begun, all(), states[begun]);
+        for (int i = places.length - 2; i >= 0; i--) {
+            due(8, "how many then", x.back(places[i + 1] - places[i]), places[i]);
+            due(8, "as it was when " + places[i] + " had been begun", all(), states[i]);
         }
-        x.step(700);
-        due(8, "forth", all(), states[x.state(0)]);
-        due(8, "as begun", x.back(x.state(0)) + all(), "0" + states[0]);
         x.step(4000);
-        due(8, "all again", all(), states[4000]);
+        due(8, "all again", all(), states[places.length - 1]);
+        for (int i = 3; i < places.length; i += 3) {
+            x.back(x.state(0) - places[i]);
+            due(8, "back to " + places[i] + " at once", all(), states[i]);
+            x.step(4000 - places[i]);
+        }
+        due(8, "all again", all(), states[places.length - 1]);
         ended("var a; a := 1; a := a div 0;");
         due(8, "an ended run stays so", x.back(0) + " " + x.state(8), "2 2");
         due(8, "before its error", x.back(1) + " " + x.state(8) + " " + x.state(2) + " " + x.state(3), "1 0 0 7");
@@ -552,7 +548,7 @@ public final class PromiseTests extends Checks {
     }
 
     private static void views() {
-        x = new SetHouse();
+        x = new House();
         throwsDue(13, "no program", "IllegalStateException", () -> x.view());
         fresh("var s, t; func f(x) = x + 1; s := {1, 2}; t := 5; s := {2, 3}; s := 7; s := {}; s := {1} + t;");
         feed("{for i in s : f(i)}");

@@ -5,7 +5,7 @@ public final class RunEdges extends Checks {
     // ------------------------------------------------ which exception
 
     private static void nothingThereYet() {
-        x = new SetHouse();
+        x = new House();
         for (int what : new int[] {-1, 10, Integer.MIN_VALUE, Integer.MAX_VALUE}) {
             refused(9, "state(" + what + ") without a run", "IndexOutOfBoundsException", () -> x.state(what));
         }
@@ -182,6 +182,68 @@ public final class RunEdges extends Checks {
         due(8, "fail again", x.step(1) + " " + x.state(5) + " " + value("a"), "0 0 om");
     }
 
+    // A run with calls within calls, points that are kept and left, fors, atoms, numbers that are drawn, and output.
+    private static final String BUSY = "var k, s, g; func f(n) = if n = 0 then [] else [n] + f(n - 1) end; proc p(n, wr a, rw b); var v; v := f(n); "
+        + "for i in [1 .. n], j in {i, n} | i <= j do b := b + [j]; if # b > 20 then b := b(10 .. 20); end; if random(6) = 1 then if ok then v := newat; else v := i; end; end; "
+        + "if random(9) = 1 then if k mod 3 > 0 then return [v, i]; end; fail; end; if n > 1 and random(3) = 1 then a := p(n - 1, v, b); end; end; a := v; return b; end; "
+        + "k := 0; s := []; if ok then s := [0]; end; while true do k + := 1; g := ok; if g then s := p(1 + random(3), g, s); else print(k, s, newat); if ok then s := []; end; end; "
+        + "if random(5) = 1 then succeed; end; if k mod 4 = 0 then for t in {1 .. 20} do if random(2) = 1 then continue; end; s := s + [t]; if # s > 40 then quit; end; end; end; s := s(1 .. if # s > 9 then 9 else # s end); "
+        + "for t in [1 .. 12] do if k mod 5 = 0 then succeed; end; if k mod 5 < 4 then quit; end; end; end;";
+
+    private static String busyNow() {
+        return stateRow() + value("k") + value("s") + value("g") + x.state(1);
+    }
+
+    /** Forth to a place and back to another one is as forth to that one alone. */
+    private static void backsOfBusyRuns() {
+        int[] places = {0, 1, 7, 40, 100, 250, 256, 300, 511, 512, 513, 600, 640, 700, 767, 768, 800, 900, 1000};
+        for (int seed = 1; seed <= 12; seed++) {
+            fresh(BUSY);
+            x.start(seed);
+            x.step(1100);
+            int last = x.state(0);
+            String[] states = new String[places.length];
+            for (int i = 0; i < places.length; i++) {
+                x.start(seed);
+                x.step(places[i]);
+                states[i] = busyNow();
+            }
+            x.start(seed);
+            x.step(1100);
+            String end = busyNow();
+            for (int i = places.length - 1; i >= 0; i -= 1 + seed % 3) {
+                if (places[i] <= last) {
+                    x.back(x.state(0) - places[i]);
+                    due(8, "back to " + places[i] + " with SEED " + seed, busyNow(), states[i]);
+                }
+            }
+            x.step(1100 - x.state(0));
+            due(8, "forth again with SEED " + seed, busyNow(), end);
+        }
+    }
+
+    /** A new run begins anew: back() goes to no other run's statements. */
+    private static void backsOfTheNewestRun() {
+        String text = "var a; a := random(1000); while true do a + := random(1000); end;";
+        fresh(text);
+        for (int seed = 1; seed <= 4; seed++) {
+            x.start(seed);
+            x.step(300);
+            String first = stateRow() + value("a");
+            x.step(1500);
+            x.start(seed + 10);
+            x.step(700);
+            String other = stateRow() + value("a");
+            x.step(300);
+            due(8, "of the newest run", x.back(300) + stateRow() + value("a"), 700 + other);
+            x.start(seed);
+            x.step(301);
+            due(8, "of a run like one before", x.back(1) + stateRow() + value("a"), 300 + first);
+            x.step(1000);
+            due(8, "once more", x.back(1000) + stateRow() + value("a"), 300 + first);
+        }
+    }
+
     private static void backWithViews() {
         started("var s; s := {1}; s := {2}; s := {3};");
         feed("s");
@@ -351,8 +413,33 @@ public final class RunEdges extends Checks {
         due(18, "told from the one shown before", x.order(), -1);
     }
 
+    /** What is shown, and the one before it, stay as they are while views are worked. */
+    private static void ordersBesideRounds() {
+        started("var a; a := {1, 2, 3}; a := {4}; a := 1 div 0;");
+        for (String view : new String[] {"a", "# a", "[a, a]", "1 div 0"}) {
+            feed(view);
+            x.view();
+        }
+        x.step(1);
+        String[] shown = {"om", "true", "5", "\"abc\"", "[1, 2]", "{1}", "{{9}}"};
+        int[] kinds = {0, 1, 2, 4, 5, 6, 6};
+        for (int i = 0; i < shown.length; i++) {
+            for (int k = 0; k < shown.length; k++) {
+                work(shown[i]);
+                work(shown[k]);
+                x.round();
+                due(18, shown[k] + " behind " + shown[i] + " and a round", x.order() + " " + x.shape(0) + " " + shown(), Integer.compare(k, i) + " " + kinds[k] + " " + shown[k]);
+            }
+        }
+        x.step(1);
+        x.round();
+        due(18, "and a step", x.order() + shown(), "0{{9}}");
+        due(15, "what went, and what came", seen(0, 2) + seen(0, 1), "{1, 2, 3}{4}");
+        due(18, "those two", x.order(), 1);
+    }
+
     private static void counts() {
-        x = new SetHouse();
+        x = new House();
         due(19, "none", x.count(0) + " " + x.count(1) + " " + x.count(2) + " " + x.count(3) + " " + x.count(4), "0 0 0 0 0");
         program("u");
         due(19, "none with a fault", x.count(0) + " " + x.count(1) + " " + x.count(2) + " " + x.count(3) + " " + x.count(4), "0 0 0 0 0");
@@ -368,6 +455,8 @@ public final class RunEdges extends Checks {
         steps();
         whatIsBegun();
         backs();
+        backsOfBusyRuns();
+        backsOfTheNewestRun();
         backWithViews();
         values();
         works();
@@ -376,6 +465,7 @@ public final class RunEdges extends Checks {
         whatCameAndWent();
         viewsAndRuns();
         shapes();
+        ordersBesideRounds();
         counts();
         finish();
     }

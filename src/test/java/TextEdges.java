@@ -24,6 +24,29 @@ public final class TextEdges extends Checks {
         faulty("var a, b; a := 1; b:=a1;", 5, 21);
     }
 
+    /** Sixteen bytes, all alike but for one: they are all other names. */
+    private static void namesThatDifferAtOnePlace() {
+        StringBuilder told = new StringBuilder("abcdefghijklmnop");
+        StringBuilder set = new StringBuilder("abcdefghijklmnop := 0; ");
+        StringBuilder got = new StringBuilder("abcdefghijklmnop");
+        StringBuilder want = new StringBuilder("0");
+        for (int i = 0; i < 16; i++) {
+            String name = "abcdefghijklmnop".substring(0, i) + "Z" + "abcdefghijklmnop".substring(i + 1);
+            told.append(", ").append(name);
+            set.append(name).append(" := ").append(i + 1).append("; ");
+            got.append(", ").append(name);
+            want.append(' ').append(i + 1);
+        }
+        prints(7, "var " + told + "; " + set + "print(" + got + ");", want + "/");
+        prints(7, "var abcdefghab, abcdefghb, abcdefgha, abcdefghaab, abcdefghbab, aabcdefgh; abcdefghab := 1; abcdefghb := 2; abcdefgha := 3; abcdefghaab := 4; abcdefghbab := 5; aabcdefgh := 6; "
+            + "print(abcdefghab, abcdefghb, abcdefgha, abcdefghaab, abcdefghbab, aabcdefgh);", "1 2 3 4 5 6/");
+        for (int n = 1; n <= 16; n++) {
+            String name = "abcdefghijklmnop".substring(0, n);
+            faulty("var " + name + ", x, " + name + ";", 4, n + 9);
+            faulty("var " + name + "; x" + name.substring(1) + " := 1;", 5, n + 6);
+        }
+    }
+
     private static void numbersOfSixtyDigits() {
         started("var a;");
         exps(12, repeated("9", 60), repeated("9", 60), repeated("0", 60), "0", repeated("0", 59) + "7", "7",
@@ -115,6 +138,14 @@ public final class TextEdges extends Checks {
         faulty("var a; a := 1; var b;", 2, 15);
         faulty("var a; a := 1; func f() = 1;", 2, 15);
         faulty("var a; a := 1; proc p(); end;", 2, 15);
+        for (String head : new String[] {"func ", "proc "}) {
+            faulty(head + "1() = 1;", 2, 5);
+            faulty(head + "\"f\"() = 1;", 2, 5);
+            faulty(head + "() = 1;", 2, 5);
+            faulty(head + "if() = 1;", 2, 5);
+            faulty(head + head, 2, 5);
+            faulty(head, 2, 5);
+        }
         faulty("func f = 1;", 2, 7);
         faulty("func f() := 1;", 2, 9);
         faulty("func f() = ;", 2, 11);
@@ -206,6 +237,43 @@ public final class TextEdges extends Checks {
         exps(12, "forall x in a | x > 0 and exists y in a | y > x or y = 2", "true", "(forall x in a | x > 0) and false", "false",
             "[for x in a, y in [x .. 2] | x + y > 2 : [x, y]]", "[[1, 2], [2, 2]]", "{for x in a + a : x}", "{1, 2}",
             "exists x in a | exists y in a | x + y = 4", "true", "not exists x in a | x = 3", "true");
+    }
+
+    /** Where an exp may stand it may be one of or, the widest of all. */
+    private static void expsOfOrEverywhere() {
+        String or = "false or true";
+        prints(7, "var a, t, f; func g(x, y) = x or y; proc p(x, y); return x or y; end; t := false or true; f := {[true, 1]}; [a] := [false or true, false or false]; print(a, t, false or true, g(false or true, false or false)); "
+            + "if false or false then print(1); elseif false or true then print(2); end; while false or t do t := false; end; for i in {1} | false or true do print(3); end; a := p(false or false, false or true); print(a); "
+            + "assert false or true; f(false or true) := false or true; print(f); f{false or false} := {false or true}; print(f); print(f(false or true), f{false or false});",
+            "true true true true/2/3/true/{[true, true]}/{[false, true], [true, true]}/true {true}/");
+        errs(7, "var a; a := 1; @a + := false or true;", "", 1);
+        errs(7, "var a; @[a] := false or true;", "", 1);
+        errs(7, "var a; a := [1]; @a(1 .. false or true) := [];", "", 1);
+        errs(7, "var a; a := [1]; @a(false or true .. 1) := [];", "", 1);
+        started("var t; t := [1];");
+        x.step(1);
+        exps(12, or, "true", "(" + or + ")", "true", "[" + or + "]", "[true]", "{" + or + ", " + or + "}", "{true}", "[1, " + or + ", 2]", "[1, true, 2]", "{" + or + " .. 1}", "!1", "{1 .. " + or + "}", "!1", "[1, " + or + " .. 2]", "!1",
+            "[1, 2 .. " + or + "]", "!1", "t(" + or + ")", "!1", "t(" + or + " .. 1)", "!1", "t(1 .. " + or + ")", "!1", "t{" + or + "}", "!1", "{[true, 5]}(" + or + ")", "5", "{[true, 5]}{" + or + "}", "{5}",
+            "{for i in t | " + or + " : " + or + "}", "{true}", "[for i in t : " + or + "]", "[true]", "exists i in t | " + or, "true", "forall i in t | false or false", "false",
+            "if " + or + " then " + or + " else 1 end", "true", "if false then 1 elseif " + or + " then " + or + " else 1 end", "true", "if false then 1 else " + or + " end", "true", "type(" + or + ")", "\"truth\"", "str(" + or + ")", "\"true\"",
+            "abs(" + or + ")", "!1", "random(" + or + ")", "!1", "exists i in t, j in [" + or + "] | j", "true");
+        // The row that an iter goes over is but a sum.
+        exps(12, "exists i in t or true | true", "?2 at 14", "exists i in t and true | true", "?2 at 14", "exists i in t = t | true", "?2 at 14", "{for i in t in t : 1}", "?2 at 12", "{for i in not t : 1}", "?2 at 10", "{for i in t + t : 1}", "{1}",
+            "{for i in (t = t or true) : 1}", "!1");
+    }
+
+    /** Operators of all levels that wait for what stands behind them, within one another. */
+    private static void operatorsThatWait() {
+        started("var t; t := [1];");
+        String[] before = {"if false or true and 1 = 1 + 0 * ", "if true and true and 1 <= 1 + 1 * ", "if false or false or 3 > 2 - 1 * ", "+ / [1, 0 * "};
+        String[] behind = {" then 1 else 0 end", " then 1 else 0 end", " then 1 else 0 end", "]"};
+        int[] each = {1, 1, 1, 2};
+        for (int i = 0; i < before.length; i++) {
+            int most = 20 / each[i];
+            due(12, "twenty of " + before[i], worked(repeated(before[i], most) + "5" + repeated(behind[i], most)), "1");
+            String first = worked(repeated(before[i], most + 1) + "5" + repeated(behind[i], most + 1));
+            due(12, "twenty-one of " + before[i], first, "?3 at " + most * before[i].length());
+        }
     }
 
     // ------------------------------------------------ names
@@ -410,6 +478,15 @@ public final class TextEdges extends Checks {
         faulty("func f() = 1; print(f(1)$", 6, 23);
         faulty("func f(a) = 1; print(f(1 1));", 2, 25);
         faulty("func f(a) = 1; print(f(1$));", 1, 24);
+        // A token that cannot stand there comes before the number of exps, which is looked at at the ) .
+        faulty("func f(a, b) = 1; print(f(1 1));", 2, 28);
+        faulty("func f(a, b) = 1; print(f(1;", 2, 27);
+        faulty("func f() = 1; print(f(1;", 2, 23);
+        faulty("func f(a) = 1; print(f(;", 2, 23);
+        faulty("proc p(a, b); end; p(1 1);", 2, 23);
+        faulty("proc p(a, b); end; p(1];", 2, 22);
+        faulty("proc p(); end; p(1;", 2, 18);
+        faulty("proc p(a); end; p(;", 2, 18);
     }
 
     private static void targetsForWrAndRw() {
@@ -551,12 +628,12 @@ public final class TextEdges extends Checks {
     // ------------------------------------------------ the tape
 
     private static void theTape() {
-        x = new SetHouse();
+        x = new House();
         for (int i = 0; i < 511; i++) {
             x.feed(0x20202020, 0x20202020, 0x20202020, 0x20202020, 0x20202020);
         }
         due(2, "as long as 512 calls make it", x.program(), 0);
-        x = new SetHouse();
+        x = new House();
         due(2, "bytes, the highest of each first", x.feed(0x76617220, 0x61203b61, 0x3a3d7b31, 0x2e2e357d, 0x3b7072ff), 20);
         x.end(17);
         due(3, "its first n", x.count(0), 17);
@@ -565,20 +642,142 @@ public final class TextEdges extends Checks {
         due(5, "a byte 255 is no token", x.program() + " " + x.fault(), "-1 1");
         x.feed(0, 0, 0, 0, 0);
         due(5, "nor is a byte 0", x.program() + " " + x.fault(), "-1 1");
-        x = new SetHouse();
-        for (int i = 0; i < 1638; i++) {
-            x.feed(0x20202020, 0x20202020, 0x20202020, 0x20202020, 0x20202020);
+    }
+
+    private static String fed(SetHouse tape) {
+        try {
+            return String.valueOf(tape.feed(0x20202020, 0x20202020, 0x20202020, 0x20202020, 0x20202020));
+        } catch (UnsupportedOperationException e) {
+            return "no room";
         }
-        refused(2, "no room for twenty more", "UnsupportedOperationException", () -> x.feed(1, 2, 3, 4, 5));
-        x.end(32749);
-        refused(2, "one too many", "UnsupportedOperationException", () -> x.feed(1, 2, 3, 4, 5));
-        x.end(32748);
-        due(2, "just full", x.feed(1, 2, 3, 4, 5), 32768);
-        refused(2, "not one more", "UnsupportedOperationException", () -> x.feed(1, 2, 3, 4, 5));
+    }
+
+    /** A tape can be full only beyond 512 calls, whose answers are free: it holds of this class, at least. */
+    private static void theFullTape() {
+        SetHouse tape = new SetHouse();
+        for (int i = 0; i < 1637; i++) {
+            tape.feed(0x20202020, 0x20202020, 0x20202020, 0x20202020, 0x20202020);
+        }
+        due(2, "nearly full", fed(tape) + " " + fed(tape) + " " + tape.count(0), "32760 no room 32760");
+        tape.end(32749);
+        due(2, "one too many", fed(tape) + " " + tape.count(0), "no room 32749");
+        tape.end(32748);
+        due(2, "just full", fed(tape) + " " + fed(tape) + " " + tape.count(0), "32768 no room 32768");
+        due(2, "a full tape of blanks", tape.program() + " " + tape.fault() + " " + tape.count(0), "0 0 0");
+    }
+
+    /** A text is fed and cut to its first n bytes: what stood behind them is not there. */
+    private static void cut(String text, int n, String want) {
+        feed(text);
+        x.end(n);
+        int answer = x.work();
+        due(3, text + " cut to " + n, answer >= 0 ? shown() : "?" + x.fault() + " at " + (-100 - answer), want);
+    }
+
+    private static void tapesThatAreCut() {
+        started("var ab, t; ab := [7, 8]; t := 5;");
+        x.step(2);
+        cut("1 <= 2", 3, "?2 at 3");
+        cut("1 >= 2", 3, "?2 at 3");
+        cut("1 /= 2", 3, "?2 at 2");
+        cut("2 ** 2", 3, "?2 at 3");
+        cut("{1 .. 2}", 4, "?1 at 3");
+        cut("t -- 2", 3, "?2 at 3");
+        cut("12", 1, "1");
+        cut("t12", 1, "5");
+        cut("abc", 2, "[7, 8]");
+        cut("ab(1)", 2, "[7, 8]");
+        cut("\"ab\"", 3, "?1 at 0");
+        cut("\"\"", 1, "?1 at 0");
+        cut("t := 1", 3, "?2 at 2");
+        cut("t + 1", 1, "5");
+        cut("t + 1 ", 5, "6");
+        cut("", 0, "?2 at 0");
+        feed("t-");
+        feed("-1");
+        x.end(2);
+        feed(" 1");
+        due(3, "and fed again", worked(""), "4");
+        feed("abc");
+        x.end(2);
+        due(11, "a name that is cut", x.value() + shown(), "6[7, 8]");
+        feed("ab");
+        x.end(1);
+        throwsDue(11, "cut too short", "IllegalArgumentException", () -> x.value());
+        due(11, "the tape stays", x.count(0), 1);
+    }
+
+    /** One program behind the other in one object: nothing of those before is left, with a fault or without one. */
+    private static void programsInARow() {
+        x = new House();
+        String[] texts = {"var a, b; func f(x) = x; proc p(wr x, rw y); var z; z := 1; end; proc q(); end; a := f(1); p(a, b); for i in {1} do q(); end;",
+            "print({for a in [1], b in $",
+            "var a; proc p(x, y); print(x, y); end; a := {for i in {1 .. 3} : i}; p(a + {4}, 7); print(a);",
+            "print({for a in [1], b in [2] : c",
+            "var b; proc r(x); end; func p(y, z) = y + z; b := 1; r(b + p(1, 2)); print(b, p(b, 1));",
+            "var a, b; for [a, c] in {[1, 2]} do for d in {} do quit; end; print(e); end;",
+            "",
+            "proc p(); var a, b, c; for d in {1} do stop; end; end; p();",
+            "proc p(",
+            "var a, c, d; proc p(x); var a; a := x; return a; end; a := p(1); c := p(2); d := [a, c]; print(d);"};
+        String[] counts = {"5 3 2 0", null, "4 2 1 0", null, "3 1 1 0", null, "0 0 0 0", "3 0 1 0", null, "6 3 1 0"};
+        // TOTAL, bytes printed, its error, that it has ended.
+        String[] ends = {"3 0 0 1", null, "7 25 0 1", null, "2 4 0 1", null, "0 0 0 1", "8 0 0 1", null, "9 7 0 1"};
+        String last = "0 0 0 0";
+        for (int turn = 0; turn < 2; turn++) {
+            for (int i = 0; i < texts.length; i++) {
+                int answer = program(texts[i]);
+                due(4, "a fault or none: " + texts[i], (answer < 0) + " " + (x.fault() != 0), (counts[i] == null) + " " + (counts[i] == null));
+                last = counts[i] == null ? last : counts[i];
+                due(19, "what there is behind " + texts[i], x.count(1) + " " + x.count(2) + " " + x.count(3) + " " + x.count(4), last);
+                if (counts[i] != null) {
+                    x.start(i);
+                    due(12, "an exp between", worked("1 + 1"), "2");
+                    x.step(100);
+                    String total = x.state(6) + " ";
+                    due(9, "its end: " + texts[i], total + x.state(1) + " " + x.state(2) + " " + x.state(8), ends[i]);
+                }
+            }
+        }
+    }
+
+    private static void fortyUnitsAgain() {
+        x = new House();
+        StringBuilder units = new StringBuilder();
+        for (int i = 0; i < 40; i++) {
+            units.append(i % 2 == 0 ? "func u" + i + "()=1;" : "proc u" + i + "();end;");
+        }
+        for (int i = 0; i < 5; i++) {
+            due(4, "forty funcs and procs once more", program(units.toString()) + " " + x.fault() + " " + x.count(3), "0 0 20");
+            due(4, "forty-one", program(units + "func f()=1;") + " " + x.fault(), (-1 - units.length() - 5) + " 8");
+        }
+    }
+
+    /** Names of iters in a text with a fault are not told behind it. */
+    private static void faultsTellNothing() {
+        started("var a; a := 1;");
+        x.step(1);
+        for (String text : new String[] {"{for zz in [1] : zz $", "{for zz in [1] | zz = yy : 1}", "exists zz in [1], yy in [zz] | $", "{for [zz, yy] in [[1, 2]] : )", "{for zz in {for yy in $", "[for zz in [1] : exists yy in [zz] | (yy"}) {
+            due(12, "a fault in " + text, work(text) < -99, true);
+            exps(12, "zz", "?5 at 0", "yy + a", "?5 at 0", "{for a in [a, 2] : a}", "{1, 2}", "a", "1");
+            feed(text);
+            due(13, "a fault in " + text, x.view() < 0, true);
+            exps(12, "zz", "?5 at 0", "yy", "?5 at 0");
+            feed("zz");
+            throwsDue(11, "no var", "IllegalArgumentException", () -> x.value());
+            x.end(0);
+        }
+        for (String text : new String[] {"print({for a in [1] : $", "print({for a in $", "for a in [1], b in {} do $", "print(exists a in [1], b in a | c);", "var c, d; for [a, b] in a do"}) {
+            x = new House();
+            due(4, "a fault in " + text, program(text) < 0, true);
+            due(5, "no name is told twice, none is lost", program("var a, b; a := 1; b := a; print(b);") + " " + x.fault(), "3 0");
+            due(5, "nor is one too many told", program("var c; print(a);") + " " + x.fault(), "-14 5");
+            due(5, "once more", program("var b; func a(c) = c; b := a(1);") + " " + x.fault(), "1 0");
+        }
     }
 
     private static void placesOfFaults() {
-        x = new SetHouse();
+        x = new House();
         due(5, "at the tape's length", program("var a") + " " + x.fault(), "-6 2");
         due(5, "blanks count", program("var a   ") + " " + x.fault(), "-9 2");
         due(5, "notes count", program("var a -- b") + " " + x.fault(), "-11 2");
@@ -589,6 +788,7 @@ public final class TextEdges extends Checks {
 
     public static void main(String[] args) {
         namesOfSixteenBytes();
+        namesThatDifferAtOnePlace();
         numbersOfSixtyDigits();
         stringsOfHundredBytes();
         blanksAndNotes();
@@ -597,6 +797,8 @@ public final class TextEdges extends Checks {
         formOfPrograms();
         formOfStatements();
         formOfExps();
+        expsOfOrEverywhere();
+        operatorsThatWait();
         namesThatAreSeen();
         kindsThatAreOpen();
         kindsThatAreClosed();
@@ -612,6 +814,11 @@ public final class TextEdges extends Checks {
         eightParams();
         fourHundredStatements();
         theTape();
+        theFullTape();
+        tapesThatAreCut();
+        programsInARow();
+        fortyUnitsAgain();
+        faultsTellNothing();
         placesOfFaults();
         finish();
     }

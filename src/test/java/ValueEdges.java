@@ -298,6 +298,64 @@ public final class ValueEdges extends Checks {
             "arb({[9], {1}})", "[9]", "arb({\"zz\", [1]})", "\"zz\"", "arb({a, \"\"})", "#1", "arb({9, a})", "9", "arb({9, true})", "true");
     }
 
+    /** Values in THE ORDER, each of them against each: as members of sets, and by < where that goes. */
+    private static void inOrder(boolean less, String... rising) {
+        StringBuilder text = new StringBuilder("var a, b, s; a := newat; b := newat; s := [");
+        for (int i = 0; i < rising.length; i++) {
+            text.append(i == 0 ? "" : ", ").append(rising[i]);
+        }
+        ended(text + "];");
+        due(7, "a row of values", x.state(2), 0);
+        hold(12, "forall i in [1 .. # s], j in [1 .. # s] | (s(i) = s(j)) = (i = j)",
+            "forall i in [1 .. # s], j in [i .. # s] | arb({s(j), s(i)}) = s(i)",
+            "forall i in [1 .. # s], j in [i .. # s] | arb({[s(j)], [s(i)]}) = [s(i)]",
+            "[for x in {for y in rev(s) : y} : x] = s", "[for x in {for y in s : {y}} : arb(x)] = s");
+        if (less) {
+            hold(12, "forall i in [1 .. # s], j in [1 .. # s] | (s(i) < s(j)) = (i < j)", "forall i in [1 .. # s], j in [1 .. # s] | (s(i) <= s(j)) = (i <= j)",
+                "forall i in [1 .. # s], j in [1 .. # s] | (s(i) > s(j)) = (i > j)", "forall i in [1 .. # s], j in [1 .. # s] | (s(i) >= s(j)) = (i >= j)",
+                "max / s = s(# s)", "min / s = s(1)", "max / rev(s) = s(# s)", "min / rev(s) = s(1)");
+        }
+        for (int i = 1; i < rising.length; i++) {
+            work("s(" + i + ")");
+            work("s(" + (i + 1) + ")");
+            due(18, rising[i] + " behind " + rising[i - 1], x.order(), 1);
+            work("s(" + i + ")");
+            due(18, rising[i - 1] + " behind " + rising[i], x.order(), -1);
+            work("s(" + i + ")");
+            due(18, rising[i - 1] + " twice", x.order(), 0);
+        }
+    }
+
+    private static void eachAgainstEach() {
+        inOrder(true, "\"\"", "char(0)", "char(0) + char(0)", "\"A\"", "\"`z\"", "\"a\"", "\"a\" + char(0)", "\"aa\"", "\"aaa\"", "\"ab\"", "\"az\"", "\"b\"", "\"ba\"", "\"bz\"", "\"c\"", "\"ca\"", "char(127)", "char(128)", "char(255)", "char(255) * 2");
+        inOrder(true, "\"abcd\"", "\"abcda\"", "\"abcde\"", "\"abcdef\"", "\"abcdefg\"", "\"abcdefgh\"", "\"abce\"", "\"abceabce\"", "\"abd\"", "\"abda\"", "\"ac\"", "\"b\"", "\"baaaaaaaa\"", "\"bb\"");
+        inOrder(true, "- (2 ** 1000)", "- (2 ** 64)", "1 - 2 ** 64", "- (2 ** 33)", "- (2 ** 32)", "1 - 2 ** 32", "- (2 ** 31)", "-134217729", "-134217728", "-134217727", "-2", "-1", "0", "1", "2", "134217727", "134217728");
+        inOrder(true, "134217728", "134217729", "2 ** 31 - 1", "2 ** 31", "2 ** 32 - 1", "2 ** 32", "2 ** 32 + 1", "2 ** 63", "2 ** 64 - 1", "2 ** 64", "2 ** 64 + 2 ** 31", "2 ** 64 + 2 ** 32", "2 ** 65", "2 ** 1000", "2 ** 1000 + 1");
+        inOrder(false, "false", "true", "-1", "0", "2 ** 90", "a", "b", "\"\"", "\"z\"", "[]", "[om, 1]", "[false]", "[1]", "[1, om, 1]", "[1, 1]", "[[]]", "{}", "{true}", "{1}", "{1, 2}", "{2}", "{[]}", "{{}}");
+        inOrder(false, "[]", "[om, om, 1]", "[om, false]", "[om, {}]", "[1]", "[1, om, 1]", "[1, 2]", "[1, 2, 3]", "[1, 3]", "[2]", "[a]", "[b]", "[\"\"]", "[\"a\"]", "[\"aa\"]", "[[1]]", "[[1], 1]", "[[1, 1]]", "[{}]");
+        inOrder(false, "{}", "{false}", "{false, true}", "{true}", "{0}", "{0, 1}", "{0, 1, 2}", "{0, 2}", "{1}", "{1, a}", "{a}", "{a, b}", "{b}", "{\"a\"}", "{\"a\", \"aa\"}", "{\"aa\"}", "{[]}", "{{}}", "{{}, {{}}}", "{{0}}");
+    }
+
+    /** Digits: powers of ten and those before them, and wholes with zeros within. */
+    private static void digitsOfWholes() {
+        started("var a;");
+        StringBuilder zeros = new StringBuilder();
+        for (int k = 0; k < 59; k++) {
+            exps(12, "1" + zeros, "1" + zeros, "- 1" + zeros, "-1" + zeros);
+            zeros.append('0');
+            exps(12, "1" + zeros + " - 1", zeros.toString().replace('0', '9'));
+        }
+        for (int from = 0; from <= 300; from += 20) {
+            String range = "[" + from + " .. " + Math.min(from + 19, 308) + "]";
+            hold(12, "forall k in " + range + " | str(10 ** k) = \"1\" + \"0\" * k", "forall k in " + range + " | str(10 ** k - 1) = \"9\" * k or k = 0",
+                "forall k in " + range + " | str(- (10 ** k) - 1) = if k = 0 then \"-2\" else \"-1\" + \"0\" * (k - 1) + \"1\" end");
+        }
+        for (int n : new int[] {100000000, 99999999, 999999999, 1000000000, 1000000001, 100000001, 10000000, 134217727, 134217728, Integer.MAX_VALUE}) {
+            BigInteger twice = BigInteger.valueOf(n).multiply(BigInteger.TEN.pow(9)).add(BigInteger.valueOf(n));
+            exps(12, String.valueOf(n), String.valueOf(n), "- " + n, "-" + n, n + " * 10 ** 9 + " + n, twice.toString());
+        }
+    }
+
     public static void main(String[] args) {
         wholesOfManyBits();
         sizesOfWholes();
@@ -315,6 +373,8 @@ public final class ValueEdges extends Checks {
         omAtTheEnd();
         equalByWhatTheyHold();
         theOrder();
+        eachAgainstEach();
+        digitsOfWholes();
         finish();
     }
 }

@@ -159,6 +159,23 @@ public final class WorkEdges extends Checks {
             "# [1, 10 ** 9 .. 10 ** 11]", "101", "[0 .. -(10 ** 300)]", "[]", "{10 ** 300 .. 5}", "{}", "[5, 4 .. 10 ** 300]", "[]");
     }
 
+    /** Rows that go down: a tuple as they come, a set in order. */
+    private static void rowsThatGoDown() {
+        started("var a;");
+        exps(12, "{5, 4 .. 1}", "{1, 2, 3, 4, 5}", "{6, 5 .. 1}", "{1, 2, 3, 4, 5, 6}", "{2, 1 .. 1}", "{1, 2}", "{2, 1 .. 2}", "{2}", "{2, 1 .. 3}", "{}", "{9, 6 .. -7}", "{-6, -3, 0, 3, 6, 9}", "[9, 6 .. -7]", "[9, 6, 3, 0, -3, -6]",
+            "{1, 0 .. -2}", "{-2, -1, 0, 1}", "{-1, -2 .. -4}", "{-4, -3, -2, -1}", "{10 ** 20 + 2, 10 ** 20 + 1 .. 10 ** 20}", "{1" + repeated("0", 20) + ", 1" + repeated("0", 19) + "1, 1" + repeated("0", 19) + "2}",
+            "{2 ** 27 + 1, 2 ** 27 .. 2 ** 27 - 2}", "{134217726, 134217727, 134217728, 134217729}", "{- (2 ** 27) + 1, - (2 ** 27) .. - (2 ** 27) - 2}", "{-134217730, -134217729, -134217728, -134217727}",
+            "{2 ** 40, 0 .. - (2 ** 41)}", "{-2199023255552, -1099511627776, 0, 1099511627776}", "{7, 5 .. 0} = {1, 3 .. 7}", "true", "{400, 399 .. 1} = {1 .. 400}", "true", "{399, 397 .. 1} = {1, 3 .. 400}", "true", "rev([9, 8 .. 1]) = [1 .. 9]", "true",
+            "[for x in {9, 7 .. 1} : x]", "[1, 3, 5, 7, 9]", "arb({9, 8 .. 3})", "3", "7 in {9, 8 .. 3}", "true", "2 in {9, 8 .. 3}", "false", "{9, 8 .. 3} + {1, 10}", "{1, 3, 4, 5, 6, 7, 8, 9, 10}");
+        for (int n = 1; n <= 12; n++) {
+            StringBuilder want = new StringBuilder("{1");
+            for (int i = 2; i <= n; i++) {
+                want.append(", ").append(i);
+            }
+            exps(12, "{" + n + ", " + (n - 1) + " .. 1}", want + "}", "{1 .. " + n + "}", want + "}");
+        }
+    }
+
     // ------------------------------------------------ parts
 
     private static void partsOfStringsAndTuples() {
@@ -341,7 +358,33 @@ public final class WorkEdges extends Checks {
         due(7, "b is written first", x.state(2) + " " + value("s"), "1 {2}");
     }
 
+    /** Parts ( i .. j ), which have two exps, before, behind and among others. */
+    private static void rowsInTargets() {
+        prints(7, "var u, v, a; u := [1, 2, 3]; v := [4, 5, 6]; [u(1 .. 2), a] := [[7], 8]; print(u, v, a); [a, u(2 .. 1), v(1)] := [1, [2, 2], 3]; print(u, v, a); [v(2 .. 3), u(1), -, a] := [[], 9, 9, 9]; print(u, v, a);",
+            "[7, 3] [4, 5, 6] 8/[7, 2, 2, 3] [3, 5, 6] 1/[9, 2, 2, 3] [3] 9/");
+        prints(7, "var u, a; u := [[1, 2, 3], [4, 5, 6]]; [u(1)(2 .. 3), u(2)(1 .. 1), u(2)(2)] := [[7], [8, 9], om]; print(u); [u(1 .. 1)(1)(1 .. 1), a, u(2)(1 .. 2)(2)] := [[0, 0], 5, 6]; print(u, a);",
+            "[[1, 7], [8, om, 5, 6]]/[[0, 0, 7], [8, 6, 5, 6]] 5/");
+        errs(7, "var u, v, a; u := [1, 2, 3, 4]; v := [[5], [6], [7]]; u(1 .. 0) fromb v; print(u, v); u(2 .. 3) frome v; print(u, v); a fromb u(2 .. 3); print(a, u); @v(1 .. 1) fromb v;",
+            "[5, 1, 2, 3, 4] [[6], [7]]/[5, 7, 3, 4] [[6]]/7 [5, 3, 4]/", 4);
+        prints(7, "var u, v; u := [[1, 2], [3, 4]]; v := [[[5], 6], 7]; u(1)(1 .. 1) fromb v(1 .. 1)(1); print(u, v); u(2)(2) frome u(1 .. 1)(1)(1 .. 2); print(u, v);",
+            "[[5, 2], [3, 4]] [[6], 7]/[[5], [3, 2]] [[6], 7]/");
+        prints(7, "var u, w; u := [[1, 2], [3, 4], [5, 6]]; u(2 .. 3)(1)(2) + := 10; print(u); u(1 .. 2)(2 .. 2)(1)(1) * := 2; print(u); u(1)(1 .. 1) + := [0]; print(u); u(3 .. 3) * := 2; print(u); w := \"abcdef\"; w(2 .. 5)(2 .. 3) + := \"!\"; print(w); w(3 .. 3)(1 .. 0) + := \"?\"; print(w);",
+            "[[1, 2], [3, 14], [5, 6]]/[[1, 2], [6, 14], [5, 6]]/[[1, 0, 2], [6, 14], [5, 6]]/[[1, 0, 2], [6, 14], [5, 6], [5, 6]]/abcd!ef/ab?cd!ef/");
+        prints(7, "var u, f; f := {[1, [[1, 2], 3]]}; f(1)(1 .. 1)(1)(1) := 9; print(f); f{1} + := {[7]}; print(f); u := [f]; u(1 .. 1)(1){1} - := {[7]}; print(u);", "{[1, [[9, 2], 3]]}/{[1, [7]], [1, [[9, 2], 3]]}/[{[1, [[9, 2], 3]]}]/");
+        prints(7, "var u, a; proc p(wr x, rw y, rw z); x := [0]; y := y + [1]; z := z + z; return [8]; end; u := [1, 2, 3]; a := [[4, 5], [6]]; u(1 .. 2) := p(a(1)(1 .. 1), a(2)(1 .. 0), a(1 .. 2)(2)); print(u, a);", "[8, 3] [[0, 5], [6, 6]]/");
+    }
+
     // ------------------------------------------------ calls and points
+
+    /** Targets of calls that stand in procs: the program's variables, params and variables of their own, names of fors. */
+    private static void callsWithinProcs() {
+        prints(7, "var g, h, k; proc p(wr x, rw y, rd z); x := z; y := [y]; return z * 10; end; proc q(a, rw b); var c, d; p(g, h, 1); print(g, h, a, b, c, d); p(a, b, 2); print(g, h, a, b, c, d); p(c, d, 3); print(g, h, a, b, c, d); "
+            + "g := p(a, d, 4); print(g, h, a, b, c, d); c := p(h, g, 5); print(g, h, a, b, c, d); for i in [0] do i := p(k, i, 6); print(i, k); p(i, k, 7); print(i, k); end; end; k := 0; q(8, k); print(g, h, k);",
+            "1 [] 8 0 om om/1 [] 2 [0] om om/1 [] 2 [0] 3 []/40 [] 4 [0] 3 [[]]/[40] 5 4 [0] 50 [[]]/60 6/7 [6]/[40] 5 [0]/");
+        prints(7, "var t, u; proc p(wr x, rw y); x := 5; y := y + 1; return 9; end; proc q(i, rw s); var v; v := [1, 2, 3]; p(t(i), v(i + 1)); print(t, v); p(v(1), t(1)); print(t, v); s(i) := p(s(2), t(2)); print(t, s); t(3) := p(u, v(2)); print(t, u, v); end; "
+            + "t := [0, 0]; u := [7, 7]; q(1, u); print(t, u);", "[5, 0] [1, 3, 3]/[6, 0] [5, 3, 3]/[6, 1] [9, 5]/[6, 1, 9] 5 [5, 4, 3]/[6, 1, 9] [9, 5]/");
+        prints(7, "proc p(rw n, wr m); if n < 4 then n + := 1; p(n, m); m + := 1; else m := 100; end; end; var a, b; a := 0; p(a, b); print(a, b);", "4 104/");
+    }
 
     private static void procedures() {
         prints(7, "proc p(rd a, wr b, rw c, d); var v; print(a, b, c, d, v); a := 1; b := 2; c := 3; d := 4; end; var q, r, s, t; q := \"q\"; r := \"r\"; s := \"s\"; t := \"t\"; p(q, r, s, t); print(q, r, s, t);", "q om s t om/q 2 3 t/");
@@ -415,6 +458,37 @@ public final class WorkEdges extends Checks {
         prints(7, "var a; a := [1, 2]; for i in a do if ok then a := i; fail; end; print(i, a); end;", "1 [1, 2]/2 [1, 2]/");
     }
 
+    /** begun, open calls, points, TOTAL behind each statement. */
+    private static String rowOfStates(String text, int n) {
+        started(text);
+        StringBuilder b = new StringBuilder();
+        for (int i = 0; i < n && x.state(8) == 0; i++) {
+            x.step(1);
+            b.append(x.state(4)).append(' ').append(x.state(5)).append(' ').append(x.state(6)).append('/');
+        }
+        return b.append(x.state(2)).toString();
+    }
+
+    /** fail goes back into calls that are over, and out of calls that are open; TOTAL is as it was. */
+    private static void failsAndCalls() {
+        // a and g; in each call of p n and v, which gets a size of 3.
+        due(9, "out of open calls", rowOfStates("var a, g; proc p(n); var v; v := [0, 0]; if n > 0 then p(n - 1); else fail; end; end; g := {0}; if ok then p(2); else a := 1; end;", 20),
+            "0 0 3/0 1 6/1 1 9/1 1 11/1 1 11/2 1 14/2 1 16/2 1 16/3 1 18/3 1 20/3 1 20/0 0 3/0 0 4/0");
+        due(9, "back into a call that is over", rowOfStates("var a; proc p(); var v; v := [0, 0]; if ok then return v; end; v := 0; return 1; end; a := p(); if a = [0, 0] then fail; end; a := 2;", 20),
+            "1 0 2/1 0 4/1 1 8/0 1 7/0 1 7/1 0 4/1 0 2/0 0 2/0 0 2/0 0 2/0");
+        due(9, "out of fors, and back into them", rowOfStates("var a; for i in [0, 0] do if ok then a := [i, 0, 0]; for j in {0} do fail; end; end; end; a := 0;", 20),
+            "0 0 6/0 1 12/0 1 15/0 1 17/0 0 6/0 1 12/0 1 15/0 1 17/0 0 3/0 0 3/0");
+        prints(7, "var k; proc p(n); if n > 0 then p(n - 1); else k := n; fail; end; end; proc q(n); if n > 0 then q(n - 1); else print(\"in\"); end; end; for i in {1 .. 3} do if ok then p(40); else print(i, k); end; end; q(49); print(\"out\");",
+            "1 om/2 om/3 om/in/out/");
+        errs(7, "proc p(n); if n > 0 then @p(n - 1); else fail; end; end; if ok then p(40); end; p(50);", "", 7);
+        errs(7, "var s; proc p(n); var v; v := n; if ok then if n > 0 then p(n - 1); end; return v; else v := [v]; s := s + v; return v; end; end; s := []; p(3); print(s); if # s < 3 then s := [7]; @fail; end;",
+            "[]/[0]/[1]/[2]/[3]/", 10);
+        prints(7, "proc p(wr a, rw b); for i in [1, 2, 3] do if ok then a := i; b := b + [i]; return i * 10; end; end; a := 0; return 0; end; var x, y, z; y := [9]; z := p(x, y); print(x, y, z); if z > 0 then fail; end; print(\"end\", x, y, z);",
+            "1 [9, 1] 10/2 [9, 2] 20/3 [9, 3] 30/0 [9] 0/end 0 [9] 0/");
+        prints(7, "var a, b; a := ok; b := [a]; if a then if # b > 0 then fail; end; end; print(a, b); a := ok; if a then b := 2; succeed; end; print(a, b);", "false [false]/true 2/");
+        prints(7, "var a; for i in {1, 2}, j in [i, 7] do a := ok; if a then fail; end; print(i, j, a); end; while true do if ok then quit; end; end; succeed; print(a);", "1 1 false/1 7 false/2 2 false/2 7 false/false/");
+    }
+
     public static void main(String[] args) {
         kindsOfOperators();
         kindsOfWords();
@@ -423,6 +497,7 @@ public final class WorkEdges extends Checks {
         broughtTogether();
         wordsAndTheirEdges();
         rowsOfWholes();
+        rowsThatGoDown();
         partsOfStringsAndTuples();
         writingTuples();
         writingRows();
@@ -433,9 +508,12 @@ public final class WorkEdges extends Checks {
         forsOverWhatIsThere();
         assignments();
         takings();
+        rowsInTargets();
+        callsWithinProcs();
         procedures();
         functions();
         points();
+        failsAndCalls();
         finish();
     }
 }
