@@ -204,6 +204,15 @@ public final class LimitEdges extends Checks {
         errs(7, head + "w := t(1 .. 998); z := 0; z + := 0; @z + := 1;", "", 6);
     }
 
+    /** Names of exps' iters and funcs' params do not count. */
+    private static void totalOfNamesThatPass() {
+        String funcs = "func g(a, b) = # a + # b; func h(n, a) = if n = 0 then # a else h(n - 1, a) + # (a + [0])(1 .. 1) end; ";
+        String full = thousands(39, ", w") + funcs + filled(39) + "w := t; ";
+        prints(7, full + "print(g(t, t), exists x in [t(1 .. 400), t(1 .. 400)], y in [x, x] | # y = 0, # {for x in {t(1 .. 900)}, [y, z] in {[t(1 .. 300), t(1 .. 300)]} : # x + # y});", "1998 false 1/");
+        due(9, "TOTAL", x.state(6), 40000);
+        prints(7, full + "print(h(5, t(1 .. 900)));", "905/");
+    }
+
     private static void totalOfFors() {
         String head = thousands(39, "") + filled(39);
         prints(7, head + "for x in t(1 .. 998) do end; print(1);", "1/");
@@ -242,6 +251,9 @@ public final class LimitEdges extends Checks {
         String room = thousands(38, ", w") + "proc p(wr a); a := t; end; " + filled(38);
         prints(7, room + "p(w); print(# w);", "999/");
         due(9, "TOTAL behind it", x.state(6), 39000);
+        // Names of fors go with the call that they are of.
+        ended("var a, b; proc p(n); for [i, j] in [[[0, 0], [0]], 5], k in [[0, 0, 0]] do a := k; return i; end; end; proc q(n); for [i, j, k] in {[0, [0], [0, 0]]} do if n > 0 then q(n - 1); end; if n = 1 then return; end; end; end; b := p(0); q(3);");
+        due(9, "TOTAL behind calls that end within fors", x.state(6) + " " + x.state(4) + " " + x.state(8), (4 + 3) + " 0 1");
     }
 
     private static void totalOfPoints() {
@@ -288,6 +300,11 @@ public final class LimitEdges extends Checks {
         prints(7, near + "p(t(1 .. 993)); fail; else p(t); for x in t, y in t do quit; end; w := t; print(1); end;", "1/");
         errs(7, near + "@p(t(1 .. 994)); fail; else p(t); for x in t, y in t do quit; end; w := t; print(1); end;", "", 6);
         prints(7, near + "succeed; p(t); for x in t, y in t do quit; end; print(1); end;", "1/");
+        // Points of 10000 (10001) and then what is 15000 twice.
+        String ten = thousands(15, "");
+        prints(7, ten + filled(10) + "t := [0] * 994; if ok then t := [0] * 999; v9 := t; v10 := t; v11 := t; v12 := t; v13 := t; if ok then print(1); end; end;", "1/");
+        due(9, "TOTAL of 40000", x.state(6), 40000);
+        errs(7, ten + filled(10) + "t := [0] * 995; if ok then t := [0] * 999; v9 := t; v10 := t; v11 := t; v12 := t; v13 := t; @if ok then print(1); end; end;", "", 6);
         String two = thousands(13, ", w") + filled(13) + "if ok then if ok then w := true; ";
         // 13001 for each of the two points, and what is now: 39003; 997 more.
         prints(7, two + "w := [0] * 997; print(1); end; end;", "1/");
@@ -451,6 +468,7 @@ public final class LimitEdges extends Checks {
         workOfWriting();
         workOfCalls();
         totalOfVariables();
+        totalOfNamesThatPass();
         totalOfFors();
         totalOfCalls();
         totalOfPoints();

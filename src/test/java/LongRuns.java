@@ -70,20 +70,20 @@ public final class LongRuns extends Checks {
 
     /** Values of other shapes than all that the run makes meanwhile. */
     private static void shownWhileValuesMove() {
-        started("var a, k; " + MADE + "k := 0; while true do k + := 1; a := {e(k), e(k + 1)}; end;");
-        String[] texts = {"{1 .. 77}", "[\"abcdefghij\"] * 9", "2 ** 777", "\"xyz\" * 100", "{for i in {1 .. 30} : [i, {i}]}", "[[[[5]]], 2 ** 40, \"ab\"]"};
-        for (String text : texts) {
-            for (String second : texts) {
-                String first = worked(text);
-                String last = worked(second);
-                String shape = x.shape(0) + " " + x.shape(1) + " " + x.shape(2) + " " + x.order();
-                x.step(400);
-                due(17, "what was shown before " + text + " and " + second, x.shape(0) + " " + x.shape(1) + " " + x.shape(2) + " " + x.order(), shape);
-                due(16, "its bytes", shown(), last);
-                worked(second);
-                due(18, "the same again", x.order(), 0);
-                due(12, "and the first one", worked(text), first);
-            }
+        String[] texts = {"{1 .. 77}", "[\"abcdefghij\"] * 9", "2 ** 777", "\"xyz\" * 30", "{for i in {1 .. 15} : [i, {i}]}", "[[[[5]]], 2 ** 40, \"ab\"]"};
+        for (int i = 0; i < texts.length; i++) {
+            String text = texts[i];
+            String second = texts[(i + 1) % texts.length];
+            started("var a, k; " + MADE + "k := 0; while true do k + := 1; a := {e(k), e(k + 1)}; end;");
+            String first = worked(text);
+            String last = worked(second);
+            String shape = x.shape(0) + " " + x.shape(1) + " " + x.shape(2) + " " + x.order();
+            x.step(1500);
+            due(17, "what was shown before: " + text + " and " + second, x.shape(0) + " " + x.shape(1) + " " + x.shape(2) + " " + x.order(), shape);
+            due(16, "its bytes", shown(), last);
+            worked(second);
+            due(18, "the same again", x.order(), 0);
+            due(12, "and the first one", worked(text), first);
         }
     }
 

@@ -7,8 +7,8 @@ import java.nio.charset.StandardCharsets;
  * and where rows are used up to their ends the answers are as the document says.
  */
 public final class RoomTests {
-    // Far below the three million that are the very most.
-    private static final long MOST_ELEMENTS = 600000;
+    // The very most; README.md tells what the class makes, which is far below.
+    private static final long MOST_ELEMENTS = 3000000;
 
     private static final ThreadMXBean THREADS = (ThreadMXBean) ManagementFactory.getThreadMXBean();
     private static int wrong = 0;
@@ -172,7 +172,7 @@ public final class RoomTests {
         due("holes", step(20000) + " " + x.state(2), "1 0");
         small("texts");
         fresh();
-        due("a part of many signs", program("var x;proc p(rw y);y:=5;end;x:=[1];p(x(1" + "+0".repeat(5040) + "));print(x);"), 4);
+        due("a part of many signs", program("var x;proc p(rw y);y:=5;end;x:=[1];p(x(1" + "+0".repeat(5000) + "));print(x);"), 4);
         start(1);
         step(20000);
         due("it is written", x.state(1) + " " + (char) x.out(1), "4 5");

@@ -130,7 +130,12 @@ public final class TextEdges extends Checks {
         accepted("", 0);
         accepted("proc p(); end; func f() = 1; var a; proc q(rd a, wr b, rw c, d); var e; var f, g; end;", 0);
         accepted("proc p(); p(); end; p();", 2);
-        faulty(";", 2, 0);
+        for (String first : "; := + - * ** ( ) { } ] , : | = /= < <= > >= # / .. 7 \"a\" rd wr rw end then elseif else do in notin subset from fromb frome om true false ok and or not div mod exists forall abs arb domain range pow type str char code min max rev newat random".split(" ")) {
+            faulty(first, 2, 0);
+            faulty(first + " a := 1;", 2, 0);
+            faulty("var a; " + first + " a;", 2, 7);
+            faulty("proc p(); " + first + " p();", 2, first.equals("end") ? 14 : 10);
+        }
         faulty("end;", 2, 0);
         faulty("var;", 2, 3);
         faulty("var a,;", 2, 6);
@@ -226,7 +231,7 @@ public final class TextEdges extends Checks {
             "[1 .. ]", "?2 at 6", "{1, 2, 3 .. 4}", "?2 at 9", "{1 .. 2, 3}", "?2 at 7", "1 = 1 = 1", "?2 at 6", "1 < 2 in {}", "?2 at 6",
             "1 = not true", "?2 at 4", "- not true", "?2 at 2", "not true = false", "true", "not not true", "true",
             "# # a", "!1", "- - 1", "1", "-# a", "-2", "+ 1", "?2 at 2", "* / [2, 3]", "6", "max [1]", "?2 at 4", "max(1)", "?2 at 3", "min / - 1", "!1",
-            "2 ** 3 ** 2", "512", "- 2 ** 2", "4", "2 ** - 1", "!4", "# [1] ** 2", "1", "10 - 4 - 3", "3", "2 * 7 mod 4", "2", "7 div 2 * 2", "6",
+            "2 ** 3 ** 2", "512", "- 2 ** 2", "4", "2 ** - 1", "!4", "+ / [1, 2] ** 2", "9", "* / [2, 3] ** 2", "36", "max / [2, 3] ** 2", "9", "min / [2, 3] ** 2", "4", "2 ** + / [1, 2]", "8", "2 ** max / [1, 3] ** 2", "512", "- + / [1, 2] ** 2", "9", "+ / [1, 2] * 2", "6", "# \"abc\" ** 2 + 1", "10", "# [1] ** 2", "1", "10 - 4 - 3", "3", "2 * 7 mod 4", "2", "7 div 2 * 2", "6",
             "1 + 2 * 3 ** 2", "19", "true or false and false", "true", "false and false or true", "true",
             "abs 1", "?2 at 4", "abs()", "?2 at 4", "abs(1, 2)", "?2 at 5", "newat", "?2 at 0", "ok", "?2 at 0", "if true then 1 end", "?2 at 15",
             "if true then 1 else 2", "?2 at 21", "if ok then 1 else 2 end", "?2 at 3", "exists x in a", "?2 at 13", "exists x in a : x = 1", "?2 at 14",
@@ -741,6 +746,24 @@ public final class TextEdges extends Checks {
         }
     }
 
+    /** Params are what this program says, whatever they were in those before it. */
+    private static void paramsInARow() {
+        String[] texts = {"var a; proc p(wr x, rw y, wr z); x := 1; y := 2; z := 3; end; p(a, a, a); print(a);", "var a; proc p(x, y, z); x := 5; end; a := 7; p(a, a + 1, 2); print(a);",
+            "var a; proc p(rd x, rw y, x2); y := x; end; p(4, a, 1); print(a);", "var a; func p(x) = x * 2; proc q(wr x); x := p(4); end; q(a); print(a);"};
+        String[] printed = {"3", "7", "4", "8"};
+        for (int first = 0; first < 4; first++) {
+            for (int second = 0; second < 4; second++) {
+                x = new House();
+                for (int i : new int[] {first, second, first, second, second, first, first}) {
+                    due(4, "once more: " + texts[i], program(texts[i]) + " " + x.fault(), (i == 0 ? 5 : i == 1 ? 4 : 3) + " 0");
+                    x.start(1);
+                    x.step(20);
+                    due(7, "what it prints", output(), printed[i] + "\n");
+                }
+            }
+        }
+    }
+
     private static void fortyUnitsAgain() {
         x = new House();
         StringBuilder units = new StringBuilder();
@@ -817,6 +840,7 @@ public final class TextEdges extends Checks {
         theFullTape();
         tapesThatAreCut();
         programsInARow();
+        paramsInARow();
         fortyUnitsAgain();
         faultsTellNothing();
         placesOfFaults();

@@ -268,6 +268,42 @@ public final class WorkEdges extends Checks {
         err(12, 9, "om and 1 div 0 = 1", "not om and 1 div 0 = 1", "if om then 1 div 0 else 1 end", "{for x in {1} | om : 1 div 0}");
     }
 
+    /** Of statements: exps of targets, then the exp, then what is read, then what is written. */
+    private static void whatComesFirstInStatements() {
+        String head = "var a, b, s; s := {1}; ";
+        // 2 or 1, by which of 1 div 0 and om + 1 is worked first; 4 or 1, where it is only read or written.
+        errs(7, head + "@a(1 div 0) := om + 1;", "", 2);
+        errs(7, head + "@a(om + 1) := 1 div 0;", "", 1);
+        errs(7, head + "@a(0) := 1 div 0;", "", 2);
+        errs(7, head + "@a(1 div 0) + := om + 1;", "", 2);
+        errs(7, head + "@a(om + 1) + := 1 div 0;", "", 1);
+        errs(7, head + "@a(1) + := 1 div 0;", "", 2);
+        errs(7, head + "a := [1]; @a(0) + := om;", "", 4);
+        errs(7, head + "a := [1]; @a(1) + := om;", "", 1);
+        errs(7, head + "@[a(1 div 0), a(om + 1)] := 5;", "", 2);
+        errs(7, head + "@[a(om + 1), a(1 div 0)] := 5;", "", 1);
+        errs(7, head + "@[a(1), b] := 1 div 0;", "", 2);
+        errs(7, head + "@[a(1)] := 5;", "", 1);
+        errs(7, head + "@a(1 div 0) from s(om + 1);", "", 2);
+        errs(7, head + "@a(om + 1) from s(1 div 0);", "", 1);
+        errs(7, head + "@a(0) from s(1 div 0);", "", 2);
+        errs(7, head + "b := [1]; @a(1) from b(0);", "", 4);
+        errs(7, head + "@a(1) fromb s;", "", 1);
+        errs(7, "var a; proc p(x, wr y); end; @p(1 div 0, a(om + 1));", "", 2);
+        errs(7, "var a; proc p(x, rw y); end; @p(om + 1, a(1 div 0));", "", 1);
+        errs(7, "var a; proc p(wr x, y); end; @p(a(om + 1), 1 div 0);", "", 2);
+        errs(7, "var a; proc p(wr x, wr y); end; @p(a(om + 1), a(1 div 0));", "", 1);
+        errs(7, "var a; proc p(wr x); end; @a(1 div 0) := p(a(om + 1));", "", 1);
+        errs(7, "var a; proc p(); @return 1 div 0; end; a(om + 1) := p();", "", 2);
+        started("var a, b, c; a := 1; b := 2; [a, b(1), c] := [7, 8, 9];");
+        x.step(9);
+        due(7, "member after member", x.state(2) + " " + value("a") + value("b") + value("c"), "1 72om");
+        started("var a, b; proc p(wr x, wr y); x := 5; y := 6; end; a := 1; b := 2; p(a, b(1));");
+        x.step(9);
+        due(7, "target after target", x.state(2) + " " + value("a") + value("b") + " " + x.state(4), "1 52 0");
+        prints(7, "var f; func g(x) = x; f := [3, 2, 1]; f(f(3)) := f(f(1)); print(f); f(f(2)) + := f(f(2)); print(f); [f(f(2)), f(1)] := [0, f(2)]; print(f);", "[1, 2, 1]/[1, 4, 1]/[4, 4, 1, 0]/");
+    }
+
     private static void writingMaps() {
         prints(7, "var f; f := {}; f(1) := 2; print(f); f(1) := 3; print(f); f(1) := om; print(f); f(1) := om; print(f); f(om) := 1; print(f); f(\"x\") := {}; print(f);",
             "{[1, 2]}/{[1, 3]}/{}/{}/{[om, 1]}/{[om, 1], [\"x\", {}]}/");
@@ -503,6 +539,7 @@ public final class WorkEdges extends Checks {
         writingRows();
         rowsAmongParts();
         whatComesFirst();
+        whatComesFirstInStatements();
         writingMaps();
         iters();
         forsOverWhatIsThere();
