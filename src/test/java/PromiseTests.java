@@ -652,7 +652,25 @@ public final class PromiseTests extends Checks {
         throwsDue(19, "no such what", "IndexOutOfBoundsException", () -> x.count(-1));
     }
 
+    /** The example that README.md tells. */
+    private static void readme() {
+        x = new House();
+        due(4, "README: program", program("var s; s := {for i in {1..9} : i * i mod 7}; print(s);"), 2);
+        feed("#s");
+        due(13, "README: view", x.view(), 0);
+        x.start(1);
+        due(7, "README: step", x.step(1), 0);
+        due(14, "README: round", x.round(), 1);
+        due(15, "README: seen", x.seen(0, 0) + " " + x.shown(0), "1 52");
+        due(7, "README: the last step", x.step(100), 1);
+        due(10, "README: out", x.out(0), 123);
+        feed("max / s");
+        due(12, "README: work", x.work() + " " + shown(), "1 4");
+        due(8, "README: back", x.back(1), 1);
+    }
+
     public static void main(String[] args) {
+        readme();
         newObject();
         feeding();
         ending();
