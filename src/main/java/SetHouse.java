@@ -102,13 +102,17 @@ public final class SetHouse {
     /**
      * The values that do not fit into a handle. A cell is a header (kind, flag, length, size, height)
      * and then limbs of a whole (lowest first; flag: below 0), packed bytes of a string, or handles
-     * of members (flag of a set: it is a map). A cell takes no more ints than its value has size.
+     * of members (flag of a set: it is a map). A cell takes no more ints than its value has size, but each
+     * member's cell may stand besides: a value takes less than two ints for each of its size in all, and
+     * nearly so many where tuples of one member stand within each other.
      */
     private static final class Heap {
         private static final int FIRST_ROOM = 16384;
-        // TOTAL, WORK of one statement, a call's value and params, what is shown and views have (27 values),
-        // and what one instruction may claim come to 143000 at the most.
-        private static final int FULL_ROOM = 160000;
+        // In use when a statement (a view, an exp) begins: two ints for each of TOTAL, 80000, and 27 values of
+        // 2000 ints that are shown or that views have, 54000. It adds three ints for two of WORK at the most
+        // (a progression's wholes have cells of their own; pow and maps add less), 91500 with the value that
+        // is too much. That is 229500 with RESERVE; what is more is there so that cells need not move too often.
+        private static final int FULL_ROOM = 1 << 18;
         // What one instruction may claim before the machine looks at the room again.
         private static final int RESERVE = 4000;
         // Kind, flag and length of a tuple of two.

@@ -184,6 +184,173 @@ public final class RoomTests {
         small("many holes");
     }
 
+    // ------------------------------------------------ the most that values can take
+
+    // One of size 991 and height 30, of tuples of one member, so that its cells take nearly twice its size.
+    private static final String DEEP = "func g(x)=[[[[[[[[[[[[[[x]]]]]]]]]]]]]];proc m();return[for i in[1..33]:g(g([newat]))];end;";
+    private static final int DEEP_SIZE = 991;
+    // One of size 999, all members of which have cells of their own; its WORK is 999, too.
+    private static final String RANGE = "{a..b}";
+    private static final String BOUNDS = "a:=200000000;b:=a+498;";
+    private static final String EIGHT = "func f(a,b,c,d,e,g,h,i)=a=i;";
+
+    private static String names(int n) {
+        StringBuilder b = new StringBuilder();
+        for (int i = 0; i < n; i++) {
+            b.append(",v").append(i);
+        }
+        return b.toString();
+    }
+
+    /** Variables get new values, after they have been om, so that TOTAL has room for them. */
+    private static String made(int from, int to) {
+        StringBuilder b = new StringBuilder();
+        for (int i = from; i < to; i++) {
+            b.append("v").append(i).append(":=om;v").append(i).append(":=m();");
+        }
+        return b.toString();
+    }
+
+    private static String ranges(int n) {
+        return RANGE + ("," + RANGE).repeat(n - 1);
+    }
+
+    /** An exp, false, that has 59 sets at once: seven in each of eight funcs within each other, three more in the innermost. */
+    private static String manyAtOnce() {
+        String exp = "f(" + ranges(3) + ",1,1,1,1,1)";
+        for (int i = 0; i < 8; i++) {
+            exp = "f(" + ranges(7) + "," + exp + ")";
+        }
+        return exp;
+    }
+
+    private static long show(String name) {
+        feed(name);
+        x.end(name.length());
+        return counted(() -> x.value());
+    }
+
+    private static long view(String exp) {
+        feed(exp);
+        return counted(() -> x.view());
+    }
+
+    private static long work(String exp) {
+        feed(exp);
+        return counted(() -> x.work());
+    }
+
+    private static long back(int n) {
+        return counted(() -> x.back(n));
+    }
+
+    /** What a statement that WORK lets through, and the next one that it does not, answer. */
+    private static void lastPrints(String where, int total) {
+        due(where + ": TOTAL before it", x.state(6), total);
+        due(where + ": sixty sets printed", step(1), 0);
+        due(where + ": its error, WORK, TOTAL", x.state(2) + " " + x.state(9) + " " + x.state(6), "0 59940 " + total);
+        int begun = x.state(0);
+        due(where + ": one more set", step(1), 2);
+        due(where + ": its error", x.state(2) + " " + x.state(9), "11 60939");
+        due(where + ": back to before", back(1), begun);
+        due(where + ": again", step(1), 2);
+        due(where + ": the same error", x.state(2), 11);
+    }
+
+    private static String prints() {
+        return "print(" + ranges(60) + ");print(" + ranges(61) + ");";
+    }
+
+    /** Forty variables, sets in views that have changed, and two values shown, none of which share anything. */
+    private static void besideViews() {
+        program("var a,b" + names(40) + ";" + EIGHT + DEEP + BOUNDS + made(0, 40) + made(0, 8) + made(0, 10) + prints());
+        start(1);
+        step(2 + 3 * 40);
+        due("a view with much at once", view(manyAtOnce()), 0);
+        for (int v = 1; v < 8; v++) {
+            due("a view of a set", view("{for y in v" + v + ":y}"), v);
+        }
+        due("all are new", counted(() -> x.round()), 8);
+        step(3 * 8);
+        due("seven are others now", counted(() -> x.round()), 7);
+        due("values shown", show("v8") > DEEP_SIZE && show("v9") > DEEP_SIZE, true);
+        step(3 * 10);
+        int total = 2 * 2 + 40 * DEEP_SIZE;
+        lastPrints("beside views", total);
+        due("an exp with much at once", work(manyAtOnce()), 5);
+        due("its WORK", x.shape(3), 59 * 999 + 5 * 2 + 9 * 2);
+        due("it is less than the value shown before it", x.order(), -1);
+        due("seven have changed once more", counted(() -> x.round()), 7);
+        due("a view with much at once is as it was", counted(() -> x.seen(0, 0)), 5);
+        for (int v = 1; v < 8; v++) {
+            seenAnew(v);
+        }
+        small("beside views");
+    }
+
+    /** All of a view's members have changed: those that came have newer atoms than those that went. */
+    private static void seenAnew(int view) {
+        counted(() -> x.seen(view, 0));
+        due("its size", x.shape(1), DEEP_SIZE);
+        counted(() -> x.seen(view, 1));
+        due("all came", x.order(), 0);
+        counted(() -> x.seen(view, 2));
+        due("as many went", x.shape(1) + " " + x.order(), DEEP_SIZE + " -1");
+    }
+
+    /** The same number of values, in points, which are gone back to. */
+    private static void inPoints() {
+        StringBuilder ways = new StringBuilder();
+        for (int i = 0; i < 2; i++) {
+            ways.append("o:=ok;if o then v0:=om;").append(made(0, 13)).append("else print(v0(1)=w,#v12);fail;end;");
+        }
+        program("var a,b,o,w" + names(13) + ";" + DEEP + BOUNDS + made(0, 13) + "w:=v0(1);" + ways + "if w=0 then stop;end;print(" + ranges(60) + ");fail;");
+        start(1);
+        int before = 3 + 3 * 13;
+        int way = 2 + 1 + 3 * 13;
+        due("to the print", step(before + 2 * way + 1), 0);
+        int total = x.state(6);
+        due("TOTAL of three times all", total > 38600 && total <= 40000, true);
+        due("sixty sets printed", step(1) + " " + x.state(2) + " " + x.state(9), "0 0 59940");
+        due("back by some", back(20), before + 2 * way + 2 - 20);
+        due("and on again", step(20) + " " + x.state(2) + " " + x.state(6), "0 0 " + total);
+        int printed = x.state(1);
+        due("both points, then none", step(20000) + " " + x.state(2), "2 10");
+        due("what was in the points", x.state(1) - printed, "false 33\ntrue 33\n".length());
+        small("in points");
+    }
+
+    /** The same in open calls, each with a param that a target waits for. */
+    private static void inCalls() {
+        program("var a,b,r;" + DEEP + "proc q(n,wr y);var l;l:=m();if n>0 then q(n-1,y);else " + prints() + "end;y:=l;end;" + BOUNDS + "q(38,r);");
+        start(1);
+        due("to the print", step(3 + 39 * 4 - 1), 0);
+        due("open calls", x.state(4), 39);
+        lastPrints("in calls", x.state(6));
+        small("in calls");
+    }
+
+    /** Long strings, rows of long wholes, maps of strings: all are there behind statements that want all of WORK. */
+    private static void ofAllKinds() {
+        String kinds = "swp";
+        StringBuilder make = new StringBuilder();
+        StringBuilder look = new StringBuilder();
+        for (int i = 0; i < 40; i++) {
+            String value = kinds.charAt(i % 3) + "(" + i + ")";
+            make.append("v").append(i).append(":=").append(value).append(";");
+            look.append("assert v").append(i).append("=").append(value).append(";");
+        }
+        program("var a,b" + names(40) + ";func s(k)=(\"abcd\"+str(100+k))*570;func w(k)=[for i in[1..29]:2**1020+i*k];"
+            + "func p(k)={for i in[1..120]:[i+k,\"abcdefgh\"*2]};" + BOUNDS + make + "print(" + ranges(60) + ");" + look + prints());
+        start(1);
+        due("to the first print", step(42), 0);
+        int total = x.state(6);
+        due("TOTAL of all kinds", total > 38000 && total <= 40000, true);
+        due("all are as they were", step(41) + " " + x.state(2) + " " + x.state(0), "0 0 83");
+        lastPrints("of all kinds", total);
+        small("of all kinds");
+    }
+
     public static void main(String[] args) {
         fresh();
         program("var x;x:=1;");
@@ -195,6 +362,14 @@ public final class RoomTests {
         stack();
         fresh();
         texts();
+        fresh();
+        besideViews();
+        fresh();
+        inPoints();
+        fresh();
+        inCalls();
+        fresh();
+        ofAllKinds();
         System.out.println(checks + " checks, " + wrong + " wrong");
         if (wrong != 0) {
             System.exit(1);
